@@ -8,6 +8,15 @@ final class Check {
 
     private int wrong = 0;
 
+    /** A new object with an item of each of these categories. */
+    static WareHall hallWith(String categories) {
+        WareHall hall = new WareHall();
+        for (char category : categories.toCharArray()) {
+            hall.addItem(category);
+        }
+        return hall;
+    }
+
     void same(String what, Object got, Object due) {
         if (!Objects.equals(got, due)) {
             wrong++;

@@ -16,16 +16,8 @@ public final class DaysTest {
         CHECK.end("DaysTest");
     }
 
-    private static WareHall hallWith(String categories) {
-        WareHall hall = new WareHall();
-        for (char category : categories.toCharArray()) {
-            hall.addItem(category);
-        }
-        return hall;
-    }
-
     private static void pass() {
-        WareHall hall = hallWith("A");
+        WareHall hall = Check.hallWith("A");
         hall.receive(0, 20, 50, 0);
         hall.promise(0, 1, 0, false);
         hall.promise(0, 1, 1, false);
@@ -52,7 +44,7 @@ public final class DaysTest {
     }
 
     private static void manyDays() {
-        WareHall hall = hallWith("A");
+        WareHall hall = Check.hallWith("A");
         for (int call = 0; call < 500; call++) {
             CHECK.same("pass", hall.pass(30), 0);
         }
@@ -63,7 +55,7 @@ public final class DaysTest {
     }
 
     private static void countDay() {
-        WareHall hall = hallWith("CBA");
+        WareHall hall = Check.hallWith("CBA");
         CHECK.refuses("bin -1", hall, INDEX, () -> hall.countDay(-1));
         CHECK.refuses("bin 40", hall, INDEX, () -> hall.countDay(40));
         CHECK.refuses("an empty bin", hall, NO_ELEMENT, () -> hall.countDay(0));
@@ -88,7 +80,7 @@ public final class DaysTest {
     }
 
     private static void nextCount() {
-        WareHall hall = hallWith("ABC");
+        WareHall hall = Check.hallWith("ABC");
         CHECK.refuses("all bins are empty", hall, NO_ELEMENT, hall::nextCount);
         hall.receive(2, 5, 50, 0);
         CHECK.same("the only one", hall.nextCount(), 0);
@@ -106,10 +98,16 @@ public final class DaysTest {
         hall.receive(0, 5, 50, 39);
         hall.receive(0, 5, 50, 31);
         CHECK.same("falling positions", hall.nextCount(), 39);
+
+        WareHall single = Check.hallWith("A");
+        single.receive(0, 1, 50, 8);
+        CHECK.same("one unit", single.nextCount(), 8);
+        single.pass(5);
+        CHECK.same("one unit is due", single.countsDue(), 1);
     }
 
     private static void countsDue() {
-        WareHall hall = hallWith("ABC");
+        WareHall hall = Check.hallWith("ABC");
         hall.receive(0, 5, 50, 0);
         hall.receive(1, 5, 50, 1);
         hall.receive(2, 5, 50, 2);

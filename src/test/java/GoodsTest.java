@@ -27,11 +27,8 @@ public final class GoodsTest {
         CHECK.end("GoodsTest");
     }
 
-    static WareHall hallWithItems() {
-        WareHall hall = new WareHall();
-        hall.addItem('A');
-        hall.addItem('B');
-        return hall;
+    private static WareHall hallWithItems() {
+        return Check.hallWith("AB");
     }
 
     /** Moves one unit of the lot to and fro until so many entries are left. */
@@ -90,6 +87,7 @@ public final class GoodsTest {
         CHECK.refuses("a lot too many", hall, STATE, () -> hall.receive(0, 1, 20, 30));
         CHECK.refuses("a lot too many in a full bin", hall, STATE, () -> hall.receive(0, 1, 20, 0));
         CHECK.refuses("a lot too many of 0 units", hall, ARGUMENT, () -> hall.receive(0, 0, 20, 30));
+        CHECK.refuses("a lot too many, too lasting", hall, ARGUMENT, () -> hall.receive(0, 1, 100, 30));
         CHECK.refuses("a lot too many in no bin", hall, INDEX, () -> hall.receive(0, 1, 20, 40));
     }
 
@@ -205,6 +203,10 @@ public final class GoodsTest {
         CHECK.same("in another bin", hall.count(30, 0, 30), 0);
         CHECK.same("stock there", hall.stock(0, 30), 30);
         CHECK.same("on hand", hall.onHand(0), 33);
+        CHECK.same("one more", hall.count(5, 0, 4), 0);
+        CHECK.same("stock", hall.stock(0, 5), 4);
+        CHECK.same("one less", hall.count(5, 0, 3), 0);
+        CHECK.same("stock", hall.stock(0, 5), 3);
         CHECK.same("nothing in an empty bin", hall.count(31, 0, 0), 0);
         hall.receive(0, 1, 50, 31);
         CHECK.same("the empty bin was counted", hall.countDay(31), 11);
@@ -221,7 +223,8 @@ public final class GoodsTest {
         CHECK.refuses("found -1", hall, ARGUMENT, () -> hall.count(5, 0, -1));
         CHECK.refuses("found 31", hall, ARGUMENT, () -> hall.count(5, 0, 31));
         CHECK.refuses("31 in the bin", hall, UNSUPPORTED, () -> hall.count(5, 0, 19));
-        fillJournal(hall, 1, 5, 6, 0);
+        fillJournal(hall, 1, 5, 6, 1);
+        CHECK.same("the last entry", hall.count(7, 0, 1), 0);
         int inBin = hall.load(5) - 10;
         CHECK.refuses("too much and no space", hall, UNSUPPORTED, () -> hall.count(5, 0, 31 - inBin));
         CHECK.refuses("no space", hall, STATE, () -> hall.count(5, 0, 9));
@@ -268,6 +271,11 @@ public final class GoodsTest {
         last.receive(0, 3, 60, 5);
         last.promise(0, 3, 60, false);
         CHECK.same("due as late as can be", last.count(5, 0, 2), 1);
+
+        WareHall today = hallWithItems();
+        today.receive(0, 3, 60, 5);
+        today.promise(0, 3, 0, false);
+        CHECK.same("due today", today.count(5, 0, 2), 1);
     }
 
     private static void countBreaksOnlyWhoNeedsTheItem() {
@@ -299,5 +307,11 @@ public final class GoodsTest {
         CHECK.refuses("move", hall, STATE, () -> hall.move(1, 8, 9, 1));
         CHECK.refuses("move of too many", hall, STATE, () -> hall.move(1, 8, 8, 2));
         CHECK.refuses("move of 31", hall, ARGUMENT, () -> hall.move(1, 8, 8, 31));
+
+        WareHall moving = hallWithItems();
+        moving.receive(0, 10, 50, 5);
+        fillJournal(moving, 0, 5, 6, 1);
+        CHECK.same("the last entry", moving.move(0, 5, 7, 2), 2);
+        CHECK.same("entries", moving.entries(), 150);
     }
 }

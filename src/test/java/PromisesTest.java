@@ -23,21 +23,13 @@ public final class PromisesTest {
         CHECK.end("PromisesTest");
     }
 
-    private static WareHall hallWith(String categories) {
-        WareHall hall = new WareHall();
-        for (char category : categories.toCharArray()) {
-            hall.addItem(category);
-        }
-        return hall;
-    }
-
     private static void available(WareHall hall, int item, int due, int quantity) {
         CHECK.same("available(" + item + ", " + due + ")", hall.available(item, due), quantity);
         CHECK.same("availableByTrying(" + item + ", " + due + ")", hall.availableByTrying(item, due), quantity);
     }
 
     private static void promise() {
-        WareHall hall = hallWith("A");
+        WareHall hall = Check.hallWith("A");
         hall.receive(0, 30, 60, 0);
         hall.receive(0, 30, 60, 1);
         CHECK.same("the first", hall.promise(0, 1, 0, false), 0);
@@ -46,7 +38,7 @@ public final class PromisesTest {
         CHECK.same("open", hall.status(1), 'o');
         CHECK.same("quantity", hall.quantity(1, 0), 58);
         available(hall, 0, 0, 0);
-        WareHall much = hallWith("A");
+        WareHall much = Check.hallWith("A");
         much.receive(0, 30, 60, 0);
         much.receive(0, 30, 60, 1);
         much.receive(0, 30, 60, 2);
@@ -55,7 +47,7 @@ public final class PromisesTest {
     }
 
     private static void promiseFromSubstitutes() {
-        WareHall hall = hallWith("ABCABC");
+        WareHall hall = Check.hallWith("ABCABC");
         for (int item = 0; item < 6; item++) {
             hall.receive(item, 4, 20, item);
         }
@@ -80,7 +72,7 @@ public final class PromisesTest {
     }
 
     private static void substitutesAreNotFollowedFurther() {
-        WareHall hall = hallWith("ABC");
+        WareHall hall = Check.hallWith("ABC");
         hall.receive(0, 2, 20, 0);
         hall.receive(1, 2, 20, 1);
         hall.receive(2, 2, 20, 2);
@@ -95,7 +87,7 @@ public final class PromisesTest {
     }
 
     private static void wrongPromise() {
-        WareHall hall = hallWith("A");
+        WareHall hall = Check.hallWith("A");
         hall.receive(0, 30, 90, 0);
         hall.receive(0, 30, 90, 1);
         hall.receive(0, 30, 90, 2);
@@ -114,7 +106,7 @@ public final class PromisesTest {
     }
 
     private static void twentyPromises() {
-        WareHall hall = hallWith("A");
+        WareHall hall = Check.hallWith("A");
         hall.receive(0, 30, 90, 0);
         for (int promise = 0; promise < 20; promise++) {
             CHECK.same("promise", hall.promise(0, 1, 10, false), promise);
@@ -122,11 +114,12 @@ public final class PromisesTest {
         hall.cancel(3);
         CHECK.refuses("one too many", hall, STATE, () -> hall.promise(0, 1, 10, false));
         CHECK.refuses("one too many, too much", hall, STATE, () -> hall.promise(0, 60, 10, false));
+        CHECK.refuses("one too many, too late", hall, ARGUMENT, () -> hall.promise(0, 1, 61, false));
         CHECK.refuses("one too many of none", hall, ARGUMENT, () -> hall.promise(0, 0, 10, false));
     }
 
     private static void cancel() {
-        WareHall hall = hallWith("AB");
+        WareHall hall = Check.hallWith("AB");
         hall.addSubstitute(0, 1, 1);
         hall.receive(0, 5, 10, 0);
         hall.receive(1, 5, 10, 0);
@@ -149,7 +142,7 @@ public final class PromisesTest {
     }
 
     private static void pick() {
-        WareHall hall = hallWith("AB");
+        WareHall hall = Check.hallWith("AB");
         hall.addSubstitute(0, 1, 1);
         hall.receive(0, 5, 10, 19);
         hall.receive(0, 5, 8, 10);
@@ -169,7 +162,7 @@ public final class PromisesTest {
     }
 
     private static void wrongPick() {
-        WareHall hall = hallWith("A");
+        WareHall hall = Check.hallWith("A");
         hall.receive(0, 9, 50, 0);
         hall.receive(0, 9, 50, 30);
         hall.move(0, 0, 1, 3);
@@ -187,7 +180,7 @@ public final class PromisesTest {
         CHECK.refuses("once more", hall, STATE, () -> hall.pick(1));
         CHECK.same("still one entry", hall.entries(), 149);
 
-        WareHall just = hallWith("A");
+        WareHall just = Check.hallWith("A");
         just.receive(0, 9, 50, 0);
         just.receive(0, 9, 50, 30);
         just.move(0, 0, 1, 3);
@@ -199,7 +192,7 @@ public final class PromisesTest {
     }
 
     private static void status() {
-        WareHall hall = hallWith("A");
+        WareHall hall = Check.hallWith("A");
         hall.receive(0, 9, 50, 0);
         for (int promise = 0; promise < 5; promise++) {
             hall.promise(0, 1, promise == 1 ? 0 : 5, false);
@@ -223,7 +216,7 @@ public final class PromisesTest {
     }
 
     private static void quantity() {
-        WareHall hall = hallWith("AB");
+        WareHall hall = Check.hallWith("AB");
         hall.receive(0, 9, 50, 0);
         hall.promise(0, 7, 5, false);
         quantities(hall, 0, 7, 0);
@@ -238,7 +231,7 @@ public final class PromisesTest {
     }
 
     private static void available() {
-        WareHall hall = hallWith("AB");
+        WareHall hall = Check.hallWith("AB");
         available(hall, 0, 0, 0);
         hall.receive(0, 10, 5, 0);
         hall.receive(0, 8, 2, 1);
@@ -270,10 +263,16 @@ public final class PromisesTest {
         hall.count(30, 3, 30);
         hall.count(31, 3, 30);
         available(hall, 1, 20, 90);
+
+        WareHall tomorrow = Check.hallWith("A");
+        tomorrow.receive(0, 4, 0, 0);
+        tomorrow.receive(0, 3, 9, 0);
+        available(tomorrow, 0, 0, 7);
+        available(tomorrow, 0, 1, 3);
     }
 
     private static void availableAfterPicking() {
-        WareHall hall = hallWith("A");
+        WareHall hall = Check.hallWith("A");
         hall.receive(0, 2, 10, 0);
         hall.receive(0, 2, 4, 1);
         hall.promise(0, 2, 3, false);
@@ -285,7 +284,7 @@ public final class PromisesTest {
     }
 
     private static void wrongAvailable() {
-        WareHall hall = hallWith("A");
+        WareHall hall = Check.hallWith("A");
         hall.receive(0, 2, 99, 0);
         hall.pass(7);
         CHECK.refuses("item -1", hall, INDEX, () -> hall.available(-1, 6));

@@ -14,21 +14,13 @@ public final class StocksTest {
         CHECK.end("StocksTest");
     }
 
-    private static WareHall hallWith(String categories) {
-        WareHall hall = new WareHall();
-        for (char category : categories.toCharArray()) {
-            hall.addItem(category);
-        }
-        return hall;
-    }
-
     private static void stock(WareHall hall, int lot, int bin, int due) {
         CHECK.same("stock(" + lot + ", " + bin + ")", hall.stock(lot, bin), due);
         CHECK.same("stockByJournal(" + lot + ", " + bin + ")", hall.stockByJournal(lot, bin), due);
     }
 
     private static void stock() {
-        WareHall hall = hallWith("AB");
+        WareHall hall = Check.hallWith("AB");
         hall.receive(0, 20, 3, 7);
         hall.receive(1, 10, 30, 7);
         stock(hall, 0, 7, 20);
@@ -59,7 +51,7 @@ public final class StocksTest {
     }
 
     private static void wrongStock() {
-        WareHall hall = hallWith("A");
+        WareHall hall = Check.hallWith("A");
         hall.receive(0, 20, 3, 7);
         for (int wrong : new int[] {-1, 1, 24, Integer.MAX_VALUE, Integer.MIN_VALUE}) {
             CHECK.refuses("stock", hall, INDEX, () -> hall.stock(wrong, 7));
@@ -76,7 +68,7 @@ public final class StocksTest {
     }
 
     private static void nextLot() {
-        WareHall hall = hallWith("AB");
+        WareHall hall = Check.hallWith("AB");
         CHECK.refuses("no lots", hall, NO_ELEMENT, () -> hall.nextLot(0, 0));
         hall.receive(0, 5, 20, 0);
         hall.receive(0, 5, 10, 1);
@@ -91,13 +83,16 @@ public final class StocksTest {
         CHECK.refuses("much too late", hall, NO_ELEMENT, () -> hall.nextLot(0, Integer.MAX_VALUE));
         hall.count(1, 1, 0);
         CHECK.same("the first one has no units", hall.nextLot(0, 0), 2);
+        hall.count(1, 1, 1);
+        CHECK.same("the first one has a unit", hall.nextLot(0, 0), 1);
+        hall.count(1, 1, 0);
         hall.pass(30);
         CHECK.same("expired", hall.nextLot(0, 5), 2);
         CHECK.same("expired too", hall.nextLot(0, 20), 0);
     }
 
     private static void onHandAndExpired() {
-        WareHall hall = hallWith("AB");
+        WareHall hall = Check.hallWith("AB");
         hall.receive(0, 5, 2, 0);
         hall.receive(0, 6, 3, 0);
         hall.receive(1, 7, 2, 0);
