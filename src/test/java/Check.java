@@ -7,6 +7,7 @@ final class Check {
     }
 
     private int wrong = 0;
+    private String topic = "";
 
     /** A new object with an item of each of these categories. */
     static WareHall hallWith(String categories) {
@@ -17,10 +18,15 @@ final class Check {
         return hall;
     }
 
+    /** What the next checks are about, told ahead of each answer that is not due. */
+    void about(String newTopic) {
+        topic = newTopic;
+    }
+
     void same(String what, Object got, Object due) {
         if (!Objects.equals(got, due)) {
             wrong++;
-            System.out.println(what + " answered " + got + ", due is " + due);
+            System.out.println(topic + what + " answered " + got + ", due is " + due);
         }
     }
 
