@@ -32,7 +32,8 @@ final class Doc {
      */
     static List<String> sentences(String place) {
         List<String> sentences = new ArrayList<>();
-        String text = PLACES.getOrDefault(place, "").replaceAll("^`[^`]*`: ", "").replaceAll(" - `\\w+`: .*?(?= Returns )", "");
+        String text = PLACES.getOrDefault(place, "").replaceAll("^`[^`]*`: ", "")
+                .replaceAll(" - `\\w+`: .*?(?= Returns )", "");
         for (String line : text.split(" (?=Throws `|Returns )|(?<=\\.) (?=[A-Z])")) {
             sentences.add(line.trim());
         }

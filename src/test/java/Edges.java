@@ -1,4 +1,8 @@
 import java.util.NoSuchElementException;
+import java.util.Set;
+import java.util.TreeSet;
+import java.util.regex.Matcher;
+import java.util.regex.Pattern;
 
 /** What the tests of single sentences have in common. */
 abstract class Edges {
@@ -9,6 +13,9 @@ abstract class Edges {
     static final Class<UnsupportedOperationException> UNSUPPORTED = UnsupportedOperationException.class;
     static final Check CHECK = new Check();
     static final int JOURNAL = 150;
+    private static final Pattern THROWN = Pattern.compile("\\w+(Exception|Error)");
+    private static final Set<String> OF_THE_FACE = Set.of(INDEX.getSimpleName(), ARGUMENT.getSimpleName(),
+            STATE.getSimpleName(), NO_ELEMENT.getSimpleName(), UNSUPPORTED.getSimpleName());
 
     /** Makes the same object again and again. */
     interface Scene {
@@ -33,8 +40,19 @@ abstract class Edges {
         WareHall hall = scene.make();
         WareHall twin = scene.make();
         CHECK.same(what, thrownBy(hall, call), due.getSimpleName() + " thrown by WareHall");
-        CHECK.same("what stands after " + what, Snapshot.of(hall), Snapshot.of(twin));
-        CHECK.same("what follows after " + what, Aftermath.of(hall), Aftermath.of(twin));
+        sameTexts("what stands after " + what, Snapshot.of(hall), Snapshot.of(twin));
+        sameTexts("what follows after " + what, Aftermath.of(hall), Aftermath.of(twin));
+    }
+
+    private static void sameTexts(String what, String got, String due) {
+        CHECK.same(what, got, due);
+        Set<String> others = new TreeSet<>();
+        Matcher thrown = THROWN.matcher(got);
+        while (thrown.find()) {
+            others.add(thrown.group());
+        }
+        others.removeAll(OF_THE_FACE);
+        CHECK.same("exceptions that the face does not have, " + what, others, Set.of());
     }
 
     /** The exception and where it was thrown; the machine's own come from elsewhere or have other names. */

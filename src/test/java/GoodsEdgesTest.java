@@ -437,6 +437,17 @@ public final class GoodsEdgesTest extends Edges {
     private static void promise6Journal() {
         accepts(() -> yesterdayWith(3), 12, "three bins, three entries left", hall -> hall.dispose(0));
         refuses(() -> yesterdayWith(2), STATE, "three bins, two entries left", hall -> hall.dispose(0));
+        Scene firstAndLast = () -> {
+            WareHall hall = yesterday();
+            hall.receive(1, 2, 5, 0);
+            hall.move(3, 0, 39, 1);
+            hall.pass(1);
+            return hall;
+        };
+        accepts(() -> leaveEntries(firstAndLast.make(), 2, 1, 18, 38), 2, "two bins, two entries left",
+                hall -> hall.dispose(3));
+        refuses(() -> leaveEntries(firstAndLast.make(), 1, 1, 18, 38), STATE,
+                "two bins, one entry left", hall -> hall.dispose(3));
         accepts(() -> yesterdayWith(1), 1, "one bin, one entry left", hall -> hall.dispose(2));
         refuses(() -> yesterdayWith(0), STATE, "one bin, a full journal", hall -> hall.dispose(2));
     }

@@ -200,6 +200,8 @@ public final class JournalEdgesTest extends Edges {
         hall.pass(30);
         hall.receive(0, 1, 99, 20);
         same("on the day 0, as before", hall.onHandOn(0, 0), 9);
+        accepts(Edges::allFull, 120, "24 lots and a full journal", h -> h.onHandOn(5, 0));
+        accepts(Edges::allFull, 120, "24 lots and a full journal, moved ones", h -> h.onHandOn(0, 0));
         same("on the day 33, before the last lot came", hall.onHandOn(0, 33), 10);
         same("on the day 34, after it", hall.onHandOn(0, 34), 11);
     }

@@ -473,11 +473,15 @@ public final class PromisesEdgesTest extends Edges {
     private static void promise13Differences() {
         availables(false);
         accepts(PromisesEdgesTest::manyUnits, 1200, "forty full bins", hall -> hall.available(0, 60));
+        accepts(Edges::allFull, 116, "a full object, four promised", hall -> hall.available(1, 60));
+        accepts(Edges::allFull, 117, "a full object, three promised", hall -> hall.available(5, 60));
     }
 
     private static void promise14SameNumber() {
         availables(true);
         accepts(PromisesEdgesTest::manyUnits, 1200, "forty full bins", hall -> hall.availableByTrying(0, 60));
+        accepts(Edges::allFull, 116, "a full object, four promised", hall -> hall.availableByTrying(1, 60));
+        accepts(Edges::allFull, 117, "a full object, three promised", hall -> hall.availableByTrying(5, 60));
     }
 
     private static WareHall manyUnits() {

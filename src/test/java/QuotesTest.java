@@ -10,8 +10,8 @@ public final class QuotesTest {
     /** Sentences that tell what the class is about, and that no call can break. */
     private static final List<String> NOTHING_TO_BREAK = List.of(
             "A warehouse whose goods come in lots with a day of expiry.",
-            "Goods are received into bins, moved, promised for a day, picked along the shortest walk, counted in cycles "
-                    + "and disposed of.",
+            "Goods are received into bins, moved, promised for a day, picked along the shortest walk, counted in "
+                    + "cycles and disposed of.",
             "The class is not thread-safe.");
 
     public static void main(String[] args) {

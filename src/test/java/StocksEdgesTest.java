@@ -341,6 +341,12 @@ public final class StocksEdgesTest extends Edges {
         same("forty full bins", hall.expired(0), 1200);
         hall.dispose(0);
         same("none after disposing", hall.expired(0), 0);
+        WareHall full = allFull();
+        full.pass(30);
+        full.pass(30);
+        same("a full object on its last day", full.expired(5), 0);
+        full.pass(1);
+        same("a full object a day later", full.expired(5), 120);
     }
 
     private static void promise32NoSuchItem() {

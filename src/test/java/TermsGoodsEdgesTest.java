@@ -47,8 +47,8 @@ public final class TermsGoodsEdgesTest extends Edges {
     }
 
     private static void addCounting(Sentences all) {
-        String counted = "When a lot is counted in a bin, its quantity there becomes what was found, and the bin counts "
-                + "as counted on the present day; at first, each bin counts as counted on the day 0.";
+        String counted = "When a lot is counted in a bin, its quantity there becomes what was found, and the bin "
+                + "counts as counted on the present day; at first, each bin counts as counted on the day 0.";
         String broken = "As long as there is a day, not less than the present one, for which the stock of the item of "
                 + "this lot is less than what is promised of it, the greatest such day is taken, and of the open "
                 + "promises that are due on it or later and have a quantity for this item, the one with the highest "
@@ -94,7 +94,8 @@ public final class TermsGoodsEdgesTest extends Edges {
                 .say("All movements are kept in a journal, from which stocks are found a second time.",
                         TermsGoodsEdgesTest::journalStocks)
                 .at("Terms, Exceptions")
-                .say("A method that throws an exception changes nothing.", TermsGoodsEdgesTest::exceptionsChangeNothing);
+                .say("A method that throws an exception changes nothing.",
+                        TermsGoodsEdgesTest::exceptionsChangeNothing);
     }
 
     /** Just 512 calls on one object. */

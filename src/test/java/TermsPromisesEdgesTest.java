@@ -17,8 +17,8 @@ public final class TermsPromisesEdgesTest extends Edges {
         String stock = "The stock of an item for a day is the number of units in its lots that expire on that day or "
                 + "later; what is promised of an item for a day is the sum of the quantities for this item in open "
                 + "promises that are due on that day or later.";
-        String available = "What is available of an item for a due day is the least difference of the stock and what is "
-                + "promised, over all days from the present day to the due day, both included.";
+        String available = "What is available of an item for a due day is the least difference of the stock and what "
+                + "is promised, over all days from the present day to the due day, both included.";
         all.at("Terms")
                 .say("What has been promised can be picked in full at any time, until the promise lapses or a count "
                         + "finds too little.", TermsPromisesEdgesTest::promisesInFull)
@@ -46,9 +46,9 @@ public final class TermsPromisesEdgesTest extends Edges {
     }
 
     private static void addPicking(Sentences all) {
-        String quantity = "The quantity for an item is taken from those of its lots that expire on the due day or later, "
-                + "in the order of the lots; from the bins of a lot in the order of the route; from each bin as much "
-                + "as possible and needed.";
+        String quantity = "The quantity for an item is taken from those of its lots that expire on the due day or "
+                + "later, in the order of the lots; from the bins of a lot in the order of the route; from each bin as "
+                + "much as possible and needed.";
         String picked = "When the promise is picked, these units leave the bins, and the promise keeps its pick lines.";
         all.at("Terms, Picking")
                 .say("The pick lines of an open promise are found as follows.", TermsPromisesEdgesTest::pickingOpen)
@@ -58,16 +58,16 @@ public final class TermsPromisesEdgesTest extends Edges {
                 .say(quantity, TermsPromisesEdgesTest::pickingPossibleAndNeeded)
                 .say("Each amount that is taken from a lot in a bin is a pick line.",
                         TermsPromisesEdgesTest::pickingEachAmount)
-                .say("The pick lines are numbered from 0 in the order of the route, lines in the same bin by the number "
-                        + "of the lot.", TermsPromisesEdgesTest::pickingNumbers)
+                .say("The pick lines are numbered from 0 in the order of the route, lines in the same bin by the "
+                        + "number of the lot.", TermsPromisesEdgesTest::pickingNumbers)
                 .say(picked, TermsPromisesEdgesTest::pickingUnitsLeave)
                 .say(picked, TermsPromisesEdgesTest::pickingKeepsLines);
     }
 
     private static void addWalks(Sentences all) {
-        String through = "A walk goes through the aisles from 0 to the last one in which there is a line, in this order; "
-                + "each of them is entered at one end and left at the same end or at the other one, and an aisle in "
-                + "which nothing is picked and that is left at the same end costs nothing.";
+        String through = "A walk goes through the aisles from 0 to the last one in which there is a line, in this "
+                + "order; each of them is entered at one end and left at the same end or at the other one, and an "
+                + "aisle in which nothing is picked and that is left at the same end costs nothing.";
         all.at("Terms, Walks")
                 .say("A walk for pick lines begins and ends at the front of the aisle 0 and reaches the bins of all "
                         + "lines.", TermsPromisesEdgesTest::walksAllLines)
@@ -318,9 +318,10 @@ public final class TermsPromisesEdgesTest extends Edges {
     }
 
     private static void makingRest() {
-        refuses(TermsPromisesEdgesTest::substitutes, UNSUPPORTED, "a rest of one", hall -> hall.promise(0, 15, 20, true));
-        refuses(TermsPromisesEdgesTest::substitutes, UNSUPPORTED, "all is a rest", hall -> hall.promise(2, 1, 20, true));
-        refuses(TermsPromisesEdgesTest::substitutes, UNSUPPORTED, "a day too late", hall -> hall.promise(0, 1, 21, true));
+        Scene scene = TermsPromisesEdgesTest::substitutes;
+        refuses(scene, UNSUPPORTED, "a rest of one", hall -> hall.promise(0, 15, 20, true));
+        refuses(scene, UNSUPPORTED, "all is a rest", hall -> hall.promise(2, 1, 20, true));
+        refuses(scene, UNSUPPORTED, "a day too late", hall -> hall.promise(0, 1, 21, true));
         WareHall hall = substitutes();
         same("a rest", Check.outcome(() -> hall.promise(0, 60, 20, true)), "UnsupportedOperationException");
         same("the first promise is still to come", hall.promise(0, 14, 20, true), 0);
