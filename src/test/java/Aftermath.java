@@ -1,28 +1,32 @@
+import java.util.function.Function;
+
 /**
- * A row of further calls on an object, and what they answer: it brings to light what no question shows at once,
- * as the ranks of substitutes, the day on which an empty bin was counted, or the expiry of a lot without units.
+ * Rows of further calls on twins of an object, and what they answer: they bring to light what no question shows at
+ * once, as the ranks of substitutes, the day on which an empty bin was counted, or the expiry of a lot without units.
  */
 final class Aftermath {
     private static final int BINS = 40;
     private static final int ITEMS = 6;
     private static final int PROMISES = 20;
 
-    private final WareHall hall;
     private final StringBuilder text = new StringBuilder();
+    private Hall hall;
 
-    private Aftermath(WareHall hall) {
-        this.hall = hall;
+    static String of(Hall hall) {
+        Aftermath aftermath = new Aftermath();
+        aftermath.add(hall, aftermath::useSubstitutes);
+        aftermath.add(hall, aftermath::visitEmptyBins);
+        aftermath.add(hall, aftermath::addItems);
+        aftermath.add(hall, aftermath::findUnitsOfEachLot);
+        aftermath.add(hall, aftermath::pickAll);
+        aftermath.add(hall, aftermath::letDaysPass);
+        return aftermath.text.toString();
     }
 
-    static String of(WareHall hall) {
-        Aftermath aftermath = new Aftermath(hall);
-        aftermath.useSubstitutes();
-        aftermath.visitEmptyBins();
-        aftermath.addItems();
-        aftermath.findUnitsOfEachLot();
-        aftermath.pickAll();
-        aftermath.letDaysPass();
-        return aftermath.text.toString();
+    private void add(Hall before, Runnable row) {
+        hall = before.twin();
+        row.run();
+        text.append('\n').append(Snapshot.of(hall)).append('\n');
     }
 
     private Object tell(Check.Call call) {
@@ -31,22 +35,23 @@ final class Aftermath {
         return answer;
     }
 
+    private int number(Function<Hall, Integer> question) {
+        return hall.ask(question) instanceof Integer number ? number : 0;
+    }
+
     /** A unit more than is available of an item comes from its first substitute that has one. */
     private void useSubstitutes() {
+        int due = number(Hall::day);
         for (int i = 0; i < ITEMS; i++) {
             int item = i;
-            int due = hall.day();
-            Object available = tell(() -> hall.available(item, due));
-            if (available instanceof Integer units) {
-                Object promise = tell(() -> hall.promise(item, Math.min(60, units + 1), due, true));
-                for (int other = 0; other < ITEMS && promise instanceof Integer; other++) {
-                    int each = other;
-                    tell(() -> hall.quantity((Integer) promise, each));
-                }
-                tell(() -> hall.cancel(promise instanceof Integer number ? number : -1));
+            int units = Math.min(60, number(h -> h.available(item, due)) + 1);
+            Object promise = tell(() -> hall.promise(item, units, due, true));
+            for (int other = 0; other < ITEMS && promise instanceof Integer; other++) {
+                int each = other;
+                tell(() -> hall.quantity((Integer) promise, each));
             }
+            tell(() -> hall.cancel(promise instanceof Integer number ? number : -1));
         }
-        text.append('\n');
     }
 
     private void visitEmptyBins() {
@@ -54,17 +59,17 @@ final class Aftermath {
         int home = lot < 0 ? -1 : firstBinOf(lot);
         for (int b = 0; b < BINS && home >= 0; b++) {
             int bin = b;
-            if (hall.load(bin) == 0) {
+            if (number(h -> h.load(bin)) == 0) {
                 tell(() -> hall.move(lot, home, bin, 1));
                 tell(() -> hall.countDay(bin));
                 tell(() -> hall.move(lot, bin, home, 1));
             }
         }
-        text.append('\n').append(Snapshot.of(hall));
     }
 
     private int firstLotWithUnits() {
-        for (int lot = 0; lot < hall.lots(); lot++) {
+        int lots = number(Hall::lots);
+        for (int lot = 0; lot < lots; lot++) {
             if (firstBinOf(lot) >= 0) {
                 return lot;
             }
@@ -73,8 +78,9 @@ final class Aftermath {
     }
 
     private int firstBinOf(int lot) {
-        for (int bin = 0; bin < BINS; bin++) {
-            if (hall.stock(lot, bin) > 0) {
+        for (int b = 0; b < BINS; b++) {
+            int bin = b;
+            if (number(h -> h.stock(lot, bin)) > 0) {
                 return bin;
             }
         }
@@ -92,16 +98,16 @@ final class Aftermath {
                 tell(() -> hall.addSubstitute(item, other, 1));
             }
         }
-        text.append('\n');
     }
 
     private void findUnitsOfEachLot() {
-        for (int l = 0; l < hall.lots(); l++) {
+        int lots = number(Hall::lots);
+        for (int l = 0; l < lots; l++) {
             int lot = l;
             int bin = Math.max(0, firstBinOf(lot));
-            tell(() -> hall.count(bin, lot, hall.stock(lot, bin) + 1));
+            int found = number(h -> h.stock(lot, bin)) + 1;
+            tell(() -> hall.count(bin, lot, found));
         }
-        text.append('\n').append(Snapshot.of(hall));
     }
 
     private void pickAll() {
@@ -109,12 +115,10 @@ final class Aftermath {
             int promise = p;
             tell(() -> hall.pick(promise));
         }
-        text.append('\n').append(Snapshot.of(hall));
     }
 
     private void letDaysPass() {
         tell(() -> hall.pass(1));
         tell(() -> hall.pass(30));
-        text.append('\n').append(Snapshot.of(hall));
     }
 }

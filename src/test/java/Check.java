@@ -10,8 +10,8 @@ final class Check {
     private String topic = "";
 
     /** A new object with an item of each of these categories. */
-    static WareHall hallWith(String categories) {
-        WareHall hall = new WareHall();
+    static Hall hallWith(String categories) {
+        Hall hall = new Hall();
         for (char category : categories.toCharArray()) {
             hall.addItem(category);
         }
@@ -31,7 +31,7 @@ final class Check {
     }
 
     /** The call has to throw just this exception, and to leave all that the object tells as it was. */
-    void refuses(String what, WareHall hall, Class<? extends RuntimeException> due, Call call) {
+    void refuses(String what, Hall hall, Class<? extends RuntimeException> due, Call call) {
         String before = Snapshot.of(hall);
         same(what, outcome(call), due.getSimpleName());
         same("what stands after " + what, Snapshot.of(hall), before);

@@ -47,8 +47,8 @@ public final class DaysEdgesTest extends Edges {
     }
 
     /** On the day 0, five promises of a unit, due on the days 0, 1, 2, 3 and 30. */
-    private static WareHall fiveDues() {
-        WareHall hall = Check.hallWith("A");
+    private static Hall fiveDues() {
+        Hall hall = Check.hallWith("A");
         hall.receive(0, 20, 99, 0);
         for (int due : new int[] {0, 1, 2, 3, 30}) {
             hall.promise(0, 1, due, false);
@@ -57,8 +57,8 @@ public final class DaysEdgesTest extends Edges {
     }
 
     private static void promise21OneAfterTheOther() {
-        WareHall atOnce = fiveDues();
-        WareHall oneByOne = fiveDues();
+        Hall atOnce = fiveDues();
+        Hall oneByOne = fiveDues();
         same("three days at once", atOnce.pass(3), 3);
         int lapsed = 0;
         for (int day = 1; day <= 3; day++) {
@@ -74,16 +74,16 @@ public final class DaysEdgesTest extends Edges {
         accepts(DaysEdgesTest::fiveDues, 2, "two days", hall -> hall.pass(2));
         accepts(DaysEdgesTest::fiveDues, 4, "29 days", hall -> hall.pass(29));
         accepts(DaysEdgesTest::fiveDues, 4, "30 days", hall -> hall.pass(30));
-        accepts(WareHall::new, 0, "without promises", hall -> hall.pass(30));
+        accepts(Hall::new, 0, "without promises", hall -> hall.pass(30));
         Scene allLapsed = () -> {
-            WareHall hall = fiveDues();
+            Hall hall = fiveDues();
             hall.pass(30);
             hall.pass(1);
             return hall;
         };
         accepts(allLapsed, 0, "those that have lapsed do not lapse again", hall -> hall.pass(1));
         Scene ended = () -> {
-            WareHall hall = fiveDues();
+            Hall hall = fiveDues();
             hall.cancel(0);
             hall.pick(1);
             hall.count(0, 0, 1);
@@ -92,7 +92,7 @@ public final class DaysEdgesTest extends Edges {
         };
         accepts(ended, 1, "the open one only", hall -> hall.pass(30));
         Scene twenty = () -> {
-            WareHall hall = Check.hallWith("A");
+            Hall hall = Check.hallWith("A");
             hall.receive(0, 20, 99, 0);
             for (int promise = 0; promise < 20; promise++) {
                 hall.promise(0, 1, 0, false);
@@ -111,7 +111,7 @@ public final class DaysEdgesTest extends Edges {
     }
 
     private static void promise22PresentDay() {
-        WareHall hall = new WareHall();
+        Hall hall = new Hall();
         same("at first", hall.day(), 0);
         hall.pass(1);
         same("a day later", hall.day(), 1);
@@ -122,8 +122,8 @@ public final class DaysEdgesTest extends Edges {
     }
 
     /** The bins 0, 1 and 2 with a unit of an item of the category A, B and C. */
-    private static WareHall threeBins() {
-        WareHall hall = Check.hallWith("ABC");
+    private static Hall threeBins() {
+        Hall hall = Check.hallWith("ABC");
         for (int item = 0; item < 3; item++) {
             hall.receive(item, 1, 99, item);
         }
@@ -131,7 +131,7 @@ public final class DaysEdgesTest extends Edges {
     }
 
     private static void promise23DueOrEarlier() {
-        WareHall hall = threeBins();
+        Hall hall = threeBins();
         int[] lastDays = {4, 9, 19};
         for (int due = 0; due < lastDays.length; due++) {
             hall.pass(lastDays[due] - hall.day());
@@ -148,15 +148,15 @@ public final class DaysEdgesTest extends Edges {
     }
 
     private static void promise23Number() {
-        accepts(WareHall::new, 0, "without items", WareHall::countsDue);
+        accepts(Hall::new, 0, "without items", Hall::countsDue);
         Scene empty = () -> {
-            WareHall hall = Check.hallWith("A");
+            Hall hall = Check.hallWith("A");
             hall.pass(30);
             return hall;
         };
-        accepts(empty, 0, "empty bins", WareHall::countsDue);
+        accepts(empty, 0, "empty bins", Hall::countsDue);
         Scene forty = () -> {
-            WareHall hall = Check.hallWith("C");
+            Hall hall = Check.hallWith("C");
             hall.receive(0, 1, 99, 0);
             for (int bin = 1; bin < 40; bin++) {
                 hall.count(bin, 0, 1);
@@ -164,11 +164,11 @@ public final class DaysEdgesTest extends Edges {
             hall.pass(20);
             return hall;
         };
-        accepts(forty, 40, "forty bins", WareHall::countsDue);
+        accepts(forty, 40, "forty bins", Hall::countsDue);
     }
 
     private static void promise24DueFirst() {
-        WareHall hall = threeBins();
+        Hall hall = threeBins();
         same("A is first", hall.nextCount(), 0);
         hall.pass(4);
         hall.count(0, 0, 1);
@@ -192,7 +192,7 @@ public final class DaysEdgesTest extends Edges {
     /** Of each two bins that lie one behind the other on the route. */
     private static void promise24FirstOnTheRoute() {
         for (int place = 0; place + 1 < ROUTE.length; place++) {
-            WareHall hall = Check.hallWith("A");
+            Hall hall = Check.hallWith("A");
             hall.receive(0, 1, 99, ROUTE[place + 1]);
             same("the only one", hall.nextCount(), ROUTE[place + 1]);
             hall.receive(0, 1, 99, ROUTE[place]);
@@ -202,49 +202,49 @@ public final class DaysEdgesTest extends Edges {
 
     private static void promise24Number() {
         for (int bin = 0; bin < 40; bin++) {
-            WareHall hall = Check.hallWith("C");
+            Hall hall = Check.hallWith("C");
             hall.receive(0, 1, 99, bin);
             same("the bin " + bin, hall.nextCount(), bin);
         }
     }
 
     private static void promise24AllEmpty() {
-        refuses(WareHall::new, NO_ELEMENT, "a new object", WareHall::nextCount);
+        refuses(Hall::new, NO_ELEMENT, "a new object", Hall::nextCount);
         accepts(() -> Check.hallWith("A"), 0, "one unit", hall -> {
             hall.receive(0, 1, 0, 0);
             return hall.nextCount();
         });
         Scene emptied = () -> {
-            WareHall hall = threeBins();
+            Hall hall = threeBins();
             for (int bin = 0; bin < 3; bin++) {
                 hall.count(bin, bin, 0);
             }
             return hall;
         };
-        refuses(emptied, NO_ELEMENT, "all were emptied", WareHall::nextCount);
+        refuses(emptied, NO_ELEMENT, "all were emptied", Hall::nextCount);
         Scene picked = () -> {
-            WareHall hall = Check.hallWith("A");
+            Hall hall = Check.hallWith("A");
             hall.receive(0, 2, 9, 7);
             hall.promise(0, 2, 0, false);
             hall.pick(0);
             return hall;
         };
-        refuses(picked, NO_ELEMENT, "all was picked", WareHall::nextCount);
+        refuses(picked, NO_ELEMENT, "all was picked", Hall::nextCount);
         Scene disposed = () -> {
-            WareHall hall = Check.hallWith("A");
+            Hall hall = Check.hallWith("A");
             hall.receive(0, 2, 0, 7);
             hall.pass(1);
             hall.dispose(0);
             return hall;
         };
-        refuses(disposed, NO_ELEMENT, "all was disposed of", WareHall::nextCount);
+        refuses(disposed, NO_ELEMENT, "all was disposed of", Hall::nextCount);
     }
 
     private static void promise25Day() {
         accepts(DaysEdgesTest::threeBins, 5, "A", hall -> hall.countDay(0));
         accepts(DaysEdgesTest::threeBins, 10, "B", hall -> hall.countDay(1));
         accepts(DaysEdgesTest::threeBins, 20, "C", hall -> hall.countDay(2));
-        WareHall hall = threeBins();
+        Hall hall = threeBins();
         hall.pass(30);
         same("long ago", hall.countDay(0), 5);
         hall.count(0, 0, 1);
@@ -256,7 +256,7 @@ public final class DaysEdgesTest extends Edges {
 
     private static void promise25NoSuchBin() {
         Scene ends = () -> {
-            WareHall hall = Check.hallWith("B");
+            Hall hall = Check.hallWith("B");
             hall.receive(0, 1, 99, 0);
             hall.receive(0, 1, 99, 39);
             return hall;
@@ -270,7 +270,7 @@ public final class DaysEdgesTest extends Edges {
     private static void promise25Empty() {
         refuses(DaysEdgesTest::threeBins, NO_ELEMENT, "a bin that never had units", hall -> hall.countDay(3));
         Scene emptied = () -> {
-            WareHall hall = threeBins();
+            Hall hall = threeBins();
             hall.move(0, 0, 3, 1);
             return hall;
         };
@@ -279,7 +279,7 @@ public final class DaysEdgesTest extends Edges {
     }
 
     private static void promise25FirstListed() {
-        refuses(WareHall::new, INDEX, "no bin, all are empty", hall -> hall.countDay(40));
-        refuses(WareHall::new, INDEX, "no bin, all are empty", hall -> hall.countDay(-1));
+        refuses(Hall::new, INDEX, "no bin, all are empty", hall -> hall.countDay(40));
+        refuses(Hall::new, INDEX, "no bin, all are empty", hall -> hall.countDay(-1));
     }
 }

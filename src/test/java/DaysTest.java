@@ -17,7 +17,7 @@ public final class DaysTest {
     }
 
     private static void pass() {
-        WareHall hall = Check.hallWith("A");
+        Hall hall = Check.hallWith("A");
         hall.receive(0, 20, 50, 0);
         hall.promise(0, 1, 0, false);
         hall.promise(0, 1, 1, false);
@@ -44,7 +44,7 @@ public final class DaysTest {
     }
 
     private static void manyDays() {
-        WareHall hall = Check.hallWith("A");
+        Hall hall = Check.hallWith("A");
         for (int call = 0; call < 500; call++) {
             CHECK.same("pass", hall.pass(30), 0);
         }
@@ -55,7 +55,7 @@ public final class DaysTest {
     }
 
     private static void countDay() {
-        WareHall hall = Check.hallWith("CBA");
+        Hall hall = Check.hallWith("CBA");
         CHECK.refuses("bin -1", hall, INDEX, () -> hall.countDay(-1));
         CHECK.refuses("bin 40", hall, INDEX, () -> hall.countDay(40));
         CHECK.refuses("an empty bin", hall, NO_ELEMENT, () -> hall.countDay(0));
@@ -80,7 +80,7 @@ public final class DaysTest {
     }
 
     private static void nextCount() {
-        WareHall hall = Check.hallWith("ABC");
+        Hall hall = Check.hallWith("ABC");
         CHECK.refuses("all bins are empty", hall, NO_ELEMENT, hall::nextCount);
         hall.receive(2, 5, 50, 0);
         CHECK.same("the only one", hall.nextCount(), 0);
@@ -99,7 +99,7 @@ public final class DaysTest {
         hall.receive(0, 5, 50, 31);
         CHECK.same("falling positions", hall.nextCount(), 39);
 
-        WareHall single = Check.hallWith("A");
+        Hall single = Check.hallWith("A");
         single.receive(0, 1, 50, 8);
         CHECK.same("one unit", single.nextCount(), 8);
         single.pass(5);
@@ -107,7 +107,7 @@ public final class DaysTest {
     }
 
     private static void countsDue() {
-        WareHall hall = Check.hallWith("ABC");
+        Hall hall = Check.hallWith("ABC");
         hall.receive(0, 5, 50, 0);
         hall.receive(1, 5, 50, 1);
         hall.receive(2, 5, 50, 2);

@@ -40,6 +40,22 @@ final class Doc {
         return sentences;
     }
 
+    /** The heads of the public face, without the class and what is imported. */
+    static List<String> face() {
+        List<String> heads = new ArrayList<>();
+        for (String head : PLACES.getOrDefault("The public face", "").split("[;{}]")) {
+            if (head.trim().matches("public .*\\(.*")) {
+                heads.add(head.trim());
+            }
+        }
+        return heads;
+    }
+
+    /** The head of a method as it stands ahead of the sentences of a promise. */
+    static String head(String promise) {
+        return PLACES.getOrDefault(promise, "").replaceAll("^`([^`]*)`: .*", "$1");
+    }
+
     private static Map<String, String> read() {
         Map<String, String> places = new LinkedHashMap<>();
         if (!Files.isReadable(FILE)) {

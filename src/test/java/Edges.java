@@ -19,16 +19,16 @@ abstract class Edges {
 
     /** Makes the same object again and again. */
     interface Scene {
-        WareHall make();
+        Hall make();
     }
 
     interface HallCall {
-        Object on(WareHall hall);
+        Object on(Hall hall);
     }
 
     /** On a new object of the scene the call is accepted, and has this answer. */
     static void accepts(Scene scene, Object due, String what, HallCall call) {
-        WareHall hall = scene.make();
+        Hall hall = scene.make();
         CHECK.same(what, Check.outcome(() -> call.on(hall)), due);
     }
 
@@ -37,8 +37,8 @@ abstract class Edges {
      * answers as a twin does, on which the call was not made, at once and in all that is done with both later.
      */
     static void refuses(Scene scene, Class<? extends RuntimeException> due, String what, HallCall call) {
-        WareHall hall = scene.make();
-        WareHall twin = scene.make();
+        Hall hall = scene.make();
+        Hall twin = scene.make();
         CHECK.same(what, thrownBy(hall, call), due.getSimpleName() + " thrown by WareHall");
         sameTexts("what stands after " + what, Snapshot.of(hall), Snapshot.of(twin));
         sameTexts("what follows after " + what, Aftermath.of(hall), Aftermath.of(twin));
@@ -56,7 +56,7 @@ abstract class Edges {
     }
 
     /** The exception and where it was thrown; the machine's own come from elsewhere or have other names. */
-    static String thrownBy(WareHall hall, HallCall call) {
+    static String thrownBy(Hall hall, HallCall call) {
         try {
             return "answer " + call.on(hall);
         } catch (RuntimeException e) {
@@ -71,19 +71,19 @@ abstract class Edges {
     }
 
     /** Makes entries until so many are left: a unit of the lot goes to and fro between two bins. */
-    static WareHall leaveEntries(WareHall hall, int left, int lot, int bin, int other) {
+    static Hall leaveEntries(Hall hall, int left, int lot, int bin, int other) {
         GoodsTest.fillJournal(hall, lot, bin, other, left);
         same("entries before", hall.entries(), JOURNAL - left);
         return hall;
     }
 
-    static String entry(WareHall hall, int entry) {
+    static String entry(Hall hall, int entry) {
         return hall.entryKind(entry) + " lot " + hall.entryLot(entry) + " from " + hall.entryFrom(entry)
                 + " to " + hall.entryTo(entry) + " of " + hall.entryQuantity(entry);
     }
 
     /** All pick lines of a promise, each as bin/lot/quantity. */
-    static String lines(WareHall hall, int promise) {
+    static String lines(Hall hall, int promise) {
         StringBuilder text = new StringBuilder();
         for (int line = 0; line < hall.pickLines(promise); line++) {
             text.append(line == 0 ? "" : " ").append(hall.pickBin(promise, line)).append('/');
@@ -92,7 +92,7 @@ abstract class Edges {
         return text.toString();
     }
 
-    static String quantities(WareHall hall, int promise, int items) {
+    static String quantities(Hall hall, int promise, int items) {
         StringBuilder text = new StringBuilder();
         for (int item = 0; item < items; item++) {
             text.append(item == 0 ? "" : " ").append(hall.quantity(promise, item));
@@ -100,7 +100,7 @@ abstract class Edges {
         return text.toString();
     }
 
-    static String statuses(WareHall hall, int promises) {
+    static String statuses(Hall hall, int promises) {
         StringBuilder text = new StringBuilder();
         for (int promise = 0; promise < promises; promise++) {
             text.append(hall.status(promise));
@@ -109,8 +109,8 @@ abstract class Edges {
     }
 
     /** One promise of each status: 0 is open, 1 picked, 2 cancelled, 3 lapsed, 4 broken; the day is 1. */
-    static WareHall allStatuses() {
-        WareHall hall = Check.hallWith("A");
+    static Hall allStatuses() {
+        Hall hall = Check.hallWith("A");
         hall.receive(0, 20, 50, 3);
         hall.receive(0, 10, 50, 14);
         hall.promise(0, 4, 20, false);
@@ -127,8 +127,8 @@ abstract class Edges {
     }
 
     /** 6 items, 24 lots, 20 open promises, a full journal and 40 bins of which the first 24 are full. */
-    static WareHall allFull() {
-        WareHall hall = Check.hallWith("ABCABC");
+    static Hall allFull() {
+        Hall hall = Check.hallWith("ABCABC");
         for (int lot = 0; lot < 24; lot++) {
             hall.receive(lot % 6, 30, 60, lot);
         }

@@ -12,9 +12,10 @@ public final class FarArgumentsTest extends Edges {
     private static final int[] FAR = {MIN, MAX, MIN + 1, MAX - 1, MIN + MAX, MAX + MAX, MIN + 30, MAX - 30, MAX - 60,
         MAX - 99, MIN + 99, MIN / 2, MAX / 2 + 1};
     private static final int DAYS = 300;
+    private static final int CALLS_FOR_QUESTIONS = 150;
 
     interface FarCall {
-        Object on(WareHall hall, int[] arguments);
+        Object on(Hall hall, int[] arguments);
     }
 
     /**
@@ -30,7 +31,7 @@ public final class FarArgumentsTest extends Edges {
         addMethods();
         all(FarArgumentsTest::oldHall, false, "an object on the day " + DAYS);
         all(Edges::allFull, false, "a full object");
-        all(WareHall::new, true, "a new object");
+        all(Hall::new, true, "a new object");
         categories();
         dueDaysOfNextLot();
         daysThatAreNear();
@@ -79,8 +80,8 @@ public final class FarArgumentsTest extends Edges {
     }
 
     /** On the day 300: two items, three lots of which one has expired, and a promise that is open. */
-    private static WareHall oldHall() {
-        WareHall hall = Check.hallWith("AB");
+    private static Hall oldHall() {
+        Hall hall = Check.hallWith("AB");
         hall.receive(1, 2, 0, 9);
         for (int passed = 0; passed < DAYS; passed += 30) {
             hall.pass(30);
@@ -92,25 +93,28 @@ public final class FarArgumentsTest extends Edges {
     }
 
     private static void all(Scene scene, boolean nothingGiven, String name) {
+        String before = Snapshot.of(scene.make());
         for (Method method : METHODS) {
             CHECK.about(name + ", " + method.name + ": ");
-            WareHall hall = scene.make();
-            int places = method.kinds.length();
-            int choices = FAR.length + 1;
             int combinations = 1;
-            for (int place = 0; place < places; place++) {
-                combinations *= choices;
+            for (int place = 0; place < method.kinds.length(); place++) {
+                combinations *= FAR.length + 1;
             }
             // The combination 0 has near arguments only, and may be accepted.
-            for (int combination = 1; combination < combinations; combination++) {
-                one(hall, method, combination, nothingGiven);
+            int combination = 1;
+            while (combination < combinations) {
+                Hall hall = scene.make();
+                while (combination < combinations && hall.callsLeft() > CALLS_FOR_QUESTIONS) {
+                    one(hall, method, combination, nothingGiven);
+                    combination++;
+                }
+                CHECK.same("what stands afterwards", Snapshot.of(hall), before);
             }
-            CHECK.same("what stands afterwards", Snapshot.of(hall), Snapshot.of(scene.make()));
         }
         CHECK.about("");
     }
 
-    private static void one(WareHall hall, Method method, int combination, boolean nothingGiven) {
+    private static void one(Hall hall, Method method, int combination, boolean nothingGiven) {
         int[] arguments = method.near.clone();
         StringBuilder what = new StringBuilder();
         boolean index = nothingGiven && method.kinds.indexOf('i') >= 0;
@@ -164,7 +168,7 @@ public final class FarArgumentsTest extends Edges {
         }
         for (int item : FAR) {
             for (int due : FAR) {
-                WareHall hall = oldHall();
+                Hall hall = oldHall();
                 CHECK.same("nextLot(" + item + ", " + due + ")", thrownBy(hall, h -> h.nextLot(item, due)),
                         "IndexOutOfBoundsException thrown by WareHall");
             }

@@ -84,21 +84,21 @@ public final class GoodsEdgesTest extends Edges {
     // Receiving
 
     /** Two items, on the day 5: the bin 7 has 20 units of the lot 0, the bin 8 is full of the lot 1. */
-    private static WareHall dayFive() {
-        WareHall hall = Check.hallWith("AB");
+    private static Hall dayFive() {
+        Hall hall = Check.hallWith("AB");
         hall.pass(5);
         hall.receive(0, 20, 50, 7);
         hall.receive(1, 30, 50, 8);
         return hall;
     }
 
-    private static WareHall journalWith(int left) {
+    private static Hall journalWith(int left) {
         return leaveEntries(dayFive(), left, 0, 7, 39);
     }
 
     /** On the day 0, so many lots of 15 units, each two in a bin. */
-    private static WareHall lots(int number) {
-        WareHall hall = Check.hallWith("AB");
+    private static Hall lots(int number) {
+        Hall hall = Check.hallWith("AB");
         for (int lot = 0; lot < number; lot++) {
             hall.receive(lot % 2, 15, 40, lot / 2);
         }
@@ -106,7 +106,7 @@ public final class GoodsEdgesTest extends Edges {
     }
 
     private static void promise4NewLot() {
-        WareHall hall = dayFive();
+        Hall hall = dayFive();
         hall.receive(0, 10, 50, 7);
         same("the lot in the bin", hall.stock(2, 7), 10);
         same("the lot that is there", hall.stock(0, 7), 20);
@@ -119,7 +119,7 @@ public final class GoodsEdgesTest extends Edges {
     }
 
     private static void promise4Number() {
-        WareHall hall = Check.hallWith("AB");
+        Hall hall = Check.hallWith("AB");
         for (int lot = 0; lot < 24; lot++) {
             same("receive", hall.receive(lot % 2, 1, 99 - lot, 39 - lot), lot);
         }
@@ -130,7 +130,7 @@ public final class GoodsEdgesTest extends Edges {
         accepts(GoodsEdgesTest::dayFive, 2, "item 0", hall -> hall.receive(0, 1, 10, 0));
         accepts(GoodsEdgesTest::dayFive, 2, "item 1", hall -> hall.receive(1, 1, 10, 0));
         refuses(GoodsEdgesTest::dayFive, INDEX, "item 2", hall -> hall.receive(2, 1, 10, 0));
-        refuses(WareHall::new, INDEX, "item 0 of none", hall -> hall.receive(0, 1, 10, 0));
+        refuses(Hall::new, INDEX, "item 0 of none", hall -> hall.receive(0, 1, 10, 0));
         accepts(() -> Check.hallWith("ABCABC"), 0, "item 5 of 6", hall -> hall.receive(5, 1, 10, 0));
         refuses(() -> Check.hallWith("ABCABC"), INDEX, "item 6 of 6", hall -> hall.receive(6, 1, 10, 0));
     }
@@ -168,8 +168,8 @@ public final class GoodsEdgesTest extends Edges {
                 hall -> hall.receive(0, 1, hall.day(), 0));
     }
 
-    private static WareHall lotsWithoutUnits() {
-        WareHall hall = lots(24);
+    private static Hall lotsWithoutUnits() {
+        Hall hall = lots(24);
         for (int lot = 0; lot < 24; lot++) {
             hall.count(lot / 2, lot, 0);
         }
@@ -191,8 +191,8 @@ public final class GoodsEdgesTest extends Edges {
         accepts(GoodsEdgesTest::expiredInBin, 2, "10 to 20 expired ones", hall -> hall.receive(0, 10, 51, 7));
     }
 
-    private static WareHall expiredInBin() {
-        WareHall hall = dayFive();
+    private static Hall expiredInBin() {
+        Hall hall = dayFive();
         hall.pass(30);
         hall.pass(16);
         return hall;
@@ -224,7 +224,7 @@ public final class GoodsEdgesTest extends Edges {
     // Moving
 
     private static void promise5Moves() {
-        WareHall hall = dayFive();
+        Hall hall = dayFive();
         hall.move(0, 7, 39, 6);
         same("in the first bin", hall.stock(0, 7), 14);
         same("in the other one", hall.stock(0, 39), 6);
@@ -239,7 +239,7 @@ public final class GoodsEdgesTest extends Edges {
     }
 
     private static void promise5Units() {
-        WareHall hall = dayFive();
+        Hall hall = dayFive();
         hall.receive(1, 3, 50, 20);
         same("without other lots", hall.move(0, 7, 20, 1), 1);
         same("with those that were there", hall.move(0, 7, 20, 9), 10);
@@ -262,7 +262,7 @@ public final class GoodsEdgesTest extends Edges {
         accepts(scene, 1, "to 0", hall -> hall.move(0, 7, 0, 1));
         accepts(scene, 1, "to 39", hall -> hall.move(0, 7, 39, 1));
         Scene ends = () -> {
-            WareHall hall = lots(0);
+            Hall hall = lots(0);
             hall.receive(0, 1, 50, 0);
             hall.receive(0, 1, 50, 39);
             return hall;
@@ -286,8 +286,8 @@ public final class GoodsEdgesTest extends Edges {
     }
 
     /** The bin 3 has 5 units of the lot 0 and 9 of the lot 1, which is of the same item; the lot 0 is in 4, too. */
-    private static WareHall mixed() {
-        WareHall hall = Check.hallWith("AB");
+    private static Hall mixed() {
+        Hall hall = Check.hallWith("AB");
         hall.receive(0, 20, 50, 4);
         hall.receive(0, 9, 50, 3);
         hall.move(0, 4, 3, 5);
@@ -314,7 +314,7 @@ public final class GoodsEdgesTest extends Edges {
         refuses(GoodsEdgesTest::dayFive, UNSUPPORTED, "11 to 20 of another lot", hall -> hall.move(1, 8, 7, 11));
         refuses(GoodsEdgesTest::dayFive, UNSUPPORTED, "1 to 30", hall -> hall.move(0, 7, 8, 1));
         Scene nearlyFull = () -> {
-            WareHall hall = mixed();
+            Hall hall = mixed();
             hall.receive(1, 11, 60, 3);
             return hall;
         };
@@ -350,8 +350,8 @@ public final class GoodsEdgesTest extends Edges {
     // Disposing
 
     /** On the day 5, the lot 0 expired yesterday and is in three bins, the lot 1 expires today. */
-    private static WareHall yesterday() {
-        WareHall hall = Check.hallWith("AB");
+    private static Hall yesterday() {
+        Hall hall = Check.hallWith("AB");
         hall.receive(0, 12, 4, 18);
         hall.receive(0, 7, 5, 18);
         hall.move(0, 18, 12, 3);
@@ -361,12 +361,12 @@ public final class GoodsEdgesTest extends Edges {
         return hall;
     }
 
-    private static WareHall yesterdayWith(int left) {
+    private static Hall yesterdayWith(int left) {
         return leaveEntries(yesterday(), left, 1, 18, 39);
     }
 
     private static void promise6AllUnits() {
-        WareHall hall = yesterday();
+        Hall hall = yesterday();
         hall.dispose(0);
         for (int bin = 0; bin < 40; bin++) {
             same("stock(0, " + bin + ")", hall.stock(0, bin), 0);
@@ -383,7 +383,7 @@ public final class GoodsEdgesTest extends Edges {
         accepts(GoodsEdgesTest::yesterday, 12, "in three bins", hall -> hall.dispose(0));
         accepts(GoodsEdgesTest::yesterday, 1, "one unit", hall -> hall.dispose(2));
         Scene sixty = () -> {
-            WareHall hall = Check.hallWith("A");
+            Hall hall = Check.hallWith("A");
             hall.receive(0, 30, 0, 1);
             hall.count(2, 0, 30);
             hall.pass(1);
@@ -397,22 +397,22 @@ public final class GoodsEdgesTest extends Edges {
         accepts(GoodsEdgesTest::yesterday, 12, "lot 0", hall -> hall.dispose(0));
         accepts(GoodsEdgesTest::yesterday, 1, "lot 2", hall -> hall.dispose(2));
         refuses(GoodsEdgesTest::yesterday, INDEX, "lot 3", hall -> hall.dispose(3));
-        refuses(WareHall::new, INDEX, "lot 0 of none", hall -> hall.dispose(0));
+        refuses(Hall::new, INDEX, "lot 0 of none", hall -> hall.dispose(0));
     }
 
     private static void promise6NoUnits() {
         Scene counted = () -> {
-            WareHall hall = yesterday();
+            Hall hall = yesterday();
             hall.count(30, 2, 0);
             return hall;
         };
         Scene disposed = () -> {
-            WareHall hall = yesterday();
+            Hall hall = yesterday();
             hall.dispose(0);
             return hall;
         };
         Scene picked = () -> {
-            WareHall hall = Check.hallWith("A");
+            Hall hall = Check.hallWith("A");
             hall.receive(0, 2, 0, 5);
             hall.promise(0, 2, 0, false);
             hall.pick(0);
@@ -429,7 +429,7 @@ public final class GoodsEdgesTest extends Edges {
         accepts(GoodsEdgesTest::yesterday, 12, "expired yesterday", hall -> hall.dispose(0));
         refuses(GoodsEdgesTest::yesterday, UNSUPPORTED, "expires today", hall -> hall.dispose(1));
         refuses(GoodsEdgesTest::dayFive, UNSUPPORTED, "expires later", hall -> hall.dispose(0));
-        WareHall hall = yesterday();
+        Hall hall = yesterday();
         hall.pass(1);
         same("expired a day later", hall.dispose(1), 7);
     }
@@ -438,7 +438,7 @@ public final class GoodsEdgesTest extends Edges {
         accepts(() -> yesterdayWith(3), 12, "three bins, three entries left", hall -> hall.dispose(0));
         refuses(() -> yesterdayWith(2), STATE, "three bins, two entries left", hall -> hall.dispose(0));
         Scene firstAndLast = () -> {
-            WareHall hall = yesterday();
+            Hall hall = yesterday();
             hall.receive(1, 2, 5, 0);
             hall.move(3, 0, 39, 1);
             hall.pass(1);
@@ -454,7 +454,7 @@ public final class GoodsEdgesTest extends Edges {
 
     private static void promise6FirstListed() {
         Scene counted = () -> {
-            WareHall hall = dayFive();
+            Hall hall = dayFive();
             hall.count(7, 0, 0);
             return hall;
         };
@@ -468,7 +468,7 @@ public final class GoodsEdgesTest extends Edges {
     // Counting
 
     private static void promise7Counts() {
-        WareHall hall = mixed();
+        Hall hall = mixed();
         hall.count(3, 0, 8);
         same("more: stock", hall.stock(0, 3), 8);
         same("the other lot", hall.stock(1, 3), 9);
@@ -484,8 +484,8 @@ public final class GoodsEdgesTest extends Edges {
         same("the same: entries", hall.entries(), 6);
     }
 
-    private static WareHall promised(int promises) {
-        WareHall hall = Check.hallWith("A");
+    private static Hall promised(int promises) {
+        Hall hall = Check.hallWith("A");
         hall.receive(0, 20, 50, 7);
         for (int promise = 0; promise < promises; promise++) {
             hall.promise(0, 1, 20, false);
@@ -513,7 +513,7 @@ public final class GoodsEdgesTest extends Edges {
         accepts(scene, 0, "lot 0", hall -> hall.count(7, 0, 1));
         accepts(scene, 0, "lot 1", hall -> hall.count(7, 1, 1));
         refuses(scene, INDEX, "lot 2", hall -> hall.count(7, 2, 1));
-        refuses(WareHall::new, INDEX, "lot 0 of none", hall -> hall.count(7, 0, 0));
+        refuses(Hall::new, INDEX, "lot 0 of none", hall -> hall.count(7, 0, 0));
         accepts(() -> lots(24), 0, "lot 23 of 24", hall -> hall.count(39, 23, 1));
         refuses(() -> lots(24), INDEX, "lot 24 of 24", hall -> hall.count(39, 24, 1));
     }
@@ -549,7 +549,7 @@ public final class GoodsEdgesTest extends Edges {
         accepts(() -> journalWith(1), 0, "more, one entry left", hall -> hall.count(20, 1, 1));
         refuses(() -> journalWith(0), STATE, "more, full journal", hall -> hall.count(20, 1, 1));
         Scene broken = () -> {
-            WareHall hall = dayFive();
+            Hall hall = dayFive();
             hall.promise(1, 30, 20, false);
             return leaveEntries(hall, 0, 0, 7, 39);
         };
@@ -559,7 +559,7 @@ public final class GoodsEdgesTest extends Edges {
     private static void promise7NoEntryNeeded() {
         accepts(() -> journalWith(0), 0, "the same", hall -> hall.count(8, 1, 30));
         accepts(() -> journalWith(0), 0, "none where none is", hall -> hall.count(20, 1, 0));
-        WareHall hall = journalWith(0);
+        Hall hall = journalWith(0);
         hall.pass(3);
         hall.count(8, 1, 30);
         same("the day of the next count", hall.countDay(8), 18);

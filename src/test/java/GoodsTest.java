@@ -27,27 +27,27 @@ public final class GoodsTest {
         CHECK.end("GoodsTest");
     }
 
-    private static WareHall hallWithItems() {
+    private static Hall hallWithItems() {
         return Check.hallWith("AB");
     }
 
     /** Moves one unit of the lot to and fro until so many entries are left. */
-    static void fillJournal(WareHall hall, int lot, int bin, int other, int left) {
-        boolean there = false;
-        while (hall.entries() < 150 - left) {
+    static void fillJournal(Hall hall, int lot, int bin, int other, int left) {
+        int missing = 150 - left - hall.entries();
+        for (int made = 0; made < missing; made++) {
+            boolean there = made % 2 == 1;
             hall.move(lot, there ? other : bin, there ? bin : other, 1);
-            there = !there;
         }
     }
 
-    static void entry(WareHall hall, int entry, String due) {
+    static void entry(Hall hall, int entry, String due) {
         String got = hall.entryKind(entry) + " lot " + hall.entryLot(entry) + " from " + hall.entryFrom(entry)
                 + " to " + hall.entryTo(entry) + " of " + hall.entryQuantity(entry);
         CHECK.same("entry " + entry, got, due);
     }
 
     private static void receive() {
-        WareHall hall = hallWithItems();
+        Hall hall = hallWithItems();
         CHECK.same("lot 0", hall.receive(0, 30, 0, 0), 0);
         CHECK.same("lot 1", hall.receive(1, 1, 99, 39), 1);
         CHECK.same("lot 2", hall.receive(0, 29, 5, 39), 2);
@@ -63,7 +63,7 @@ public final class GoodsTest {
     }
 
     private static void wrongReceive() {
-        WareHall hall = hallWithItems();
+        Hall hall = hallWithItems();
         hall.receive(0, 20, 50, 7);
         hall.pass(3);
         CHECK.refuses("item -1", hall, INDEX, () -> hall.receive(-1, 0, 10, 7));
@@ -80,7 +80,7 @@ public final class GoodsTest {
     }
 
     private static void lotsAreFull() {
-        WareHall hall = hallWithItems();
+        Hall hall = hallWithItems();
         for (int lot = 0; lot < 24; lot++) {
             CHECK.same("receive", hall.receive(lot % 2, 15, 20, lot / 2), lot);
         }
@@ -92,7 +92,7 @@ public final class GoodsTest {
     }
 
     private static void move() {
-        WareHall hall = hallWithItems();
+        Hall hall = hallWithItems();
         hall.receive(0, 30, 1, 3);
         hall.receive(1, 20, 9, 4);
         CHECK.same("move", hall.move(0, 3, 4, 4), 4);
@@ -109,7 +109,7 @@ public final class GoodsTest {
     }
 
     private static void wrongMove() {
-        WareHall hall = hallWithItems();
+        Hall hall = hallWithItems();
         hall.receive(0, 20, 9, 3);
         hall.receive(1, 25, 9, 4);
         CHECK.refuses("lot -1", hall, INDEX, () -> hall.move(-1, 3, 4, 0));
@@ -129,7 +129,7 @@ public final class GoodsTest {
     }
 
     private static void dispose() {
-        WareHall hall = hallWithItems();
+        Hall hall = hallWithItems();
         hall.receive(0, 12, 4, 18);
         hall.receive(0, 7, 5, 18);
         hall.move(0, 18, 12, 3);
@@ -146,7 +146,7 @@ public final class GoodsTest {
     }
 
     private static void wrongDispose() {
-        WareHall hall = hallWithItems();
+        Hall hall = hallWithItems();
         hall.receive(0, 2, 4, 18);
         hall.receive(0, 2, 9, 19);
         hall.count(19, 1, 0);
@@ -161,7 +161,7 @@ public final class GoodsTest {
     }
 
     private static void disposeWithFullJournal() {
-        WareHall hall = hallWithItems();
+        Hall hall = hallWithItems();
         hall.receive(0, 9, 0, 1);
         hall.receive(0, 9, 50, 2);
         hall.receive(0, 1, 0, 4);
@@ -172,7 +172,7 @@ public final class GoodsTest {
         hall.pass(1);
         CHECK.refuses("three entries for two places", hall, STATE, () -> hall.dispose(0));
         CHECK.same("one entry", hall.dispose(2), 1);
-        WareHall just = hallWithItems();
+        Hall just = hallWithItems();
         just.receive(0, 9, 0, 1);
         just.receive(0, 9, 50, 2);
         just.move(0, 1, 0, 4);
@@ -184,7 +184,7 @@ public final class GoodsTest {
     }
 
     private static void count() {
-        WareHall hall = hallWithItems();
+        Hall hall = hallWithItems();
         hall.receive(0, 10, 50, 5);
         hall.receive(1, 10, 50, 5);
         hall.pass(4);
@@ -213,7 +213,7 @@ public final class GoodsTest {
     }
 
     private static void wrongCount() {
-        WareHall hall = hallWithItems();
+        Hall hall = hallWithItems();
         hall.receive(0, 10, 50, 5);
         hall.receive(1, 12, 50, 5);
         CHECK.refuses("bin -1", hall, INDEX, () -> hall.count(-1, 0, 31));
@@ -234,7 +234,7 @@ public final class GoodsTest {
     }
 
     private static void countBreaksHighestNumber() {
-        WareHall hall = hallWithItems();
+        Hall hall = hallWithItems();
         hall.receive(0, 10, 50, 5);
         hall.promise(0, 4, 20, false);
         hall.promise(0, 3, 20, false);
@@ -249,7 +249,7 @@ public final class GoodsTest {
     }
 
     private static void countBreaksForGreatestDayFirst() {
-        WareHall hall = hallWithItems();
+        Hall hall = hallWithItems();
         hall.receive(0, 5, 40, 5);
         hall.receive(0, 5, 10, 6);
         hall.promise(0, 5, 30, false);
@@ -258,7 +258,7 @@ public final class GoodsTest {
         CHECK.same("the late one", hall.status(0), 'b');
         CHECK.same("not the early one", hall.status(1), 'o');
 
-        WareHall both = hallWithItems();
+        Hall both = hallWithItems();
         both.receive(0, 5, 40, 5);
         both.receive(0, 5, 10, 6);
         both.promise(0, 5, 30, false);
@@ -267,19 +267,19 @@ public final class GoodsTest {
         CHECK.same("the late one stays", both.status(0), 'o');
         CHECK.same("the last one is broken", both.status(1), 'b');
 
-        WareHall last = hallWithItems();
+        Hall last = hallWithItems();
         last.receive(0, 3, 60, 5);
         last.promise(0, 3, 60, false);
         CHECK.same("due as late as can be", last.count(5, 0, 2), 1);
 
-        WareHall today = hallWithItems();
+        Hall today = hallWithItems();
         today.receive(0, 3, 60, 5);
         today.promise(0, 3, 0, false);
         CHECK.same("due today", today.count(5, 0, 2), 1);
     }
 
     private static void countBreaksOnlyWhoNeedsTheItem() {
-        WareHall hall = hallWithItems();
+        Hall hall = hallWithItems();
         hall.addSubstitute(0, 1, 1);
         hall.receive(0, 5, 40, 5);
         hall.receive(1, 9, 40, 6);
@@ -297,7 +297,7 @@ public final class GoodsTest {
     }
 
     private static void fullJournal() {
-        WareHall hall = hallWithItems();
+        Hall hall = hallWithItems();
         hall.receive(0, 10, 50, 5);
         fillJournal(hall, 0, 5, 6, 1);
         CHECK.same("the last entry", hall.receive(1, 1, 50, 8), 1);
@@ -308,7 +308,7 @@ public final class GoodsTest {
         CHECK.refuses("move of too many", hall, STATE, () -> hall.move(1, 8, 8, 2));
         CHECK.refuses("move of 31", hall, ARGUMENT, () -> hall.move(1, 8, 8, 31));
 
-        WareHall moving = hallWithItems();
+        Hall moving = hallWithItems();
         moving.receive(0, 10, 50, 5);
         fillJournal(moving, 0, 5, 6, 1);
         CHECK.same("the last entry", moving.move(0, 5, 7, 2), 2);

@@ -32,21 +32,21 @@ public final class ItemsEdgesTest extends Edges {
                 .say(FIRST_LISTED, ItemsEdgesTest::promise3FirstListed);
     }
 
-    private static WareHall items(int number) {
+    private static Hall items(int number) {
         return Check.hallWith("ABCABC".substring(0, number));
     }
 
     private static void promise1WithoutItems() {
         for (int item : new int[] {-1, 0, 1, 5, 6}) {
-            refuses(WareHall::new, INDEX, "onHand(" + item + ")", hall -> hall.onHand(item));
-            refuses(WareHall::new, INDEX, "addSubstitute(" + item + ", 0, 1)", hall -> hall.addSubstitute(item, 0, 1));
+            refuses(Hall::new, INDEX, "onHand(" + item + ")", hall -> hall.onHand(item));
+            refuses(Hall::new, INDEX, "addSubstitute(" + item + ", 0, 1)", hall -> hall.addSubstitute(item, 0, 1));
         }
-        accepts(WareHall::new, 0, "the first addItem", hall -> hall.addItem('A'));
-        accepts(WareHall::new, 0, "lots", WareHall::lots);
-        accepts(WareHall::new, 0, "entries", WareHall::entries);
-        refuses(WareHall::new, INDEX, "status(0)", hall -> hall.status(0));
-        WareHall one = new WareHall();
-        WareHall other = new WareHall();
+        accepts(Hall::new, 0, "the first addItem", hall -> hall.addItem('A'));
+        accepts(Hall::new, 0, "lots", Hall::lots);
+        accepts(Hall::new, 0, "entries", Hall::entries);
+        refuses(Hall::new, INDEX, "status(0)", hall -> hall.status(0));
+        Hall one = new Hall();
+        Hall other = new Hall();
         one.addItem('A');
         one.receive(0, 1, 0, 0);
         same("the load in another object", other.load(0), 0);
@@ -54,7 +54,7 @@ public final class ItemsEdgesTest extends Edges {
     }
 
     private static void promise1EmptyBins() {
-        WareHall hall = new WareHall();
+        Hall hall = new Hall();
         for (int b = 0; b < 40; b++) {
             int bin = b;
             same("load(" + bin + ")", hall.load(bin), 0);
@@ -65,31 +65,34 @@ public final class ItemsEdgesTest extends Edges {
     }
 
     private static void promise2WithoutSubstitutes() {
-        WareHall hall = items(6);
+        Hall hall = items(6);
         for (int item = 0; item < 6; item++) {
             same("the first substitute of " + item, hall.addSubstitute(item, (item + 1) % 6, 9), 1);
         }
-        WareHall without = items(2);
+        Hall without = items(2);
         without.receive(0, 5, 9, 0);
         same("promise of the new item", Check.outcome(() -> without.promise(1, 1, 0, true)),
                 "UnsupportedOperationException");
     }
 
     private static void promise2Number() {
-        WareHall hall = new WareHall();
+        Hall hall = new Hall();
         for (int item = 0; item < 6; item++) {
             same("addItem", hall.addItem("CABBAC".charAt(item)), item);
         }
     }
 
     private static void promise2Category() {
-        WareHall hall = new WareHall();
         for (int c = 0; c <= 65535; c++) {
             char category = (char) c;
             boolean right = c == 65 || c == 66 || c == 67;
-            WareHall asked = right ? new WareHall() : hall;
-            same("addItem((char) " + c + ")", Check.outcome(() -> asked.addItem(category)),
+            same("addItem((char) " + c + ")", Check.outcome(() -> new Hall().addItem(category)),
                     right ? (Object) 0 : "IllegalArgumentException");
+        }
+        Hall hall = new Hall();
+        while (hall.callsLeft() > 1) {
+            char wrong = (char) ('D' + hall.callsLeft());
+            same("a wrong one", Check.outcome(() -> hall.addItem(wrong)), "IllegalArgumentException");
         }
         same("the first right one", hall.addItem('B'), 0);
         for (char wrong : new char[] {0, '@', 'D', 'a', 'b', 'c', 65535}) {
@@ -111,7 +114,7 @@ public final class ItemsEdgesTest extends Edges {
     }
 
     private static void promise3OneWay() {
-        WareHall hall = items(2);
+        Hall hall = items(2);
         hall.receive(0, 5, 9, 0);
         hall.receive(1, 5, 9, 1);
         hall.addSubstitute(0, 1, 1);
@@ -123,7 +126,7 @@ public final class ItemsEdgesTest extends Edges {
     }
 
     private static void promise3Number() {
-        WareHall hall = items(6);
+        Hall hall = items(6);
         for (int item = 0; item < 6; item++) {
             int number = 0;
             for (int other = 5; other >= 0; other--) {
@@ -168,8 +171,8 @@ public final class ItemsEdgesTest extends Edges {
     }
 
     /** 1 substitutes 0 by the rank 5 and 2 substitutes 0 by the rank 4; each has a unit. */
-    private static WareHall withSubstitutes() {
-        WareHall hall = items(3);
+    private static Hall withSubstitutes() {
+        Hall hall = items(3);
         hall.addSubstitute(0, 1, 5);
         hall.addSubstitute(0, 2, 4);
         hall.receive(1, 1, 9, 0);
@@ -183,7 +186,7 @@ public final class ItemsEdgesTest extends Edges {
             accepts(ItemsEdgesTest::withSubstitutes, 1, "the other way", hall -> hall.addSubstitute(1, 0, rank));
             accepts(ItemsEdgesTest::withSubstitutes, 1, "two others", hall -> hall.addSubstitute(1, 2, rank));
         }
-        WareHall hall = withSubstitutes();
+        Hall hall = withSubstitutes();
         same("again by 1", Check.outcome(() -> hall.addSubstitute(0, 1, 1)), "IllegalStateException");
         hall.promise(0, 1, 0, true);
         same("the ranks have stayed", quantities(hall, 0, 3), "0 0 1");

@@ -16,7 +16,7 @@ public final class ItemsTest {
     }
 
     private static void newObject() {
-        WareHall hall = new WareHall();
+        Hall hall = new Hall();
         CHECK.same("day", hall.day(), 0);
         CHECK.same("lots", hall.lots(), 0);
         CHECK.same("entries", hall.entries(), 0);
@@ -26,13 +26,13 @@ public final class ItemsTest {
         }
         CHECK.refuses("onHand without items", hall, INDEX, () -> hall.onHand(0));
         CHECK.refuses("status without promises", hall, INDEX, () -> hall.status(0));
-        WareHall other = new WareHall();
+        Hall other = new Hall();
         hall.addItem('A');
         CHECK.refuses("onHand of another object", other, INDEX, () -> other.onHand(0));
     }
 
     private static void categories() {
-        WareHall hall = new WareHall();
+        Hall hall = new Hall();
         CHECK.same("A", hall.addItem('A'), 0);
         CHECK.same("B", hall.addItem('B'), 1);
         CHECK.same("C", hall.addItem('C'), 2);
@@ -43,7 +43,7 @@ public final class ItemsTest {
     }
 
     private static void sixItems() {
-        WareHall hall = new WareHall();
+        Hall hall = new Hall();
         for (int item = 0; item < 6; item++) {
             CHECK.same("addItem", hall.addItem('C'), item);
         }
@@ -52,7 +52,7 @@ public final class ItemsTest {
     }
 
     private static void substitutes() {
-        WareHall hall = new WareHall();
+        Hall hall = new Hall();
         for (int item = 0; item < 6; item++) {
             hall.addItem('A');
         }
@@ -65,7 +65,7 @@ public final class ItemsTest {
     }
 
     private static void wrongSubstitutes() {
-        WareHall hall = new WareHall();
+        Hall hall = new Hall();
         hall.addItem('A');
         hall.addItem('B');
         hall.addSubstitute(0, 1, 5);

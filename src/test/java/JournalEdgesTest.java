@@ -64,12 +64,12 @@ public final class JournalEdgesTest extends Edges {
     }
 
     interface EntryCall {
-        Object on(WareHall hall, int entry);
+        Object on(Hall hall, int entry);
     }
 
     /** Eight entries, of each kind at least one, with the first and the last bin, and from 1 to 30 units. */
-    private static WareHall eightEntries() {
-        WareHall hall = Check.hallWith("A");
+    private static Hall eightEntries() {
+        Hall hall = Check.hallWith("A");
         hall.receive(0, 30, 8, 39);
         hall.receive(0, 8, 7, 0);
         hall.move(1, 0, 39 - 18, 2);
@@ -94,19 +94,19 @@ public final class JournalEdgesTest extends Edges {
         refuses(JournalEdgesTest::eightEntries, INDEX, "entry -1", hall -> call.on(hall, -1));
         refuses(JournalEdgesTest::eightEntries, INDEX, "entry 8 of 8", hall -> call.on(hall, 8));
         refuses(JournalEdgesTest::eightEntries, INDEX, "entry 149 of 8", hall -> call.on(hall, 149));
-        refuses(WareHall::new, INDEX, "entry 0 of none", hall -> call.on(hall, 0));
+        refuses(Hall::new, INDEX, "entry 0 of none", hall -> call.on(hall, 0));
         refuses(Edges::allFull, INDEX, "entry 150 of 150", hall -> call.on(hall, 150));
         same("entry 149 of 150", thrownBy(allFull(), hall -> call.on(hall, 149)).startsWith("answer "), true);
         same("entry 0 of 150", thrownBy(allFull(), hall -> call.on(hall, 0)).startsWith("answer "), true);
     }
 
     private static void promise33FromNoneToFull() {
-        accepts(WareHall::new, 0, "a new object", WareHall::entries);
-        accepts(Edges::allFull, 150, "a full journal", WareHall::entries);
-        WareHall hall = allFull();
+        accepts(Hall::new, 0, "a new object", Hall::entries);
+        accepts(Edges::allFull, 150, "a full journal", Hall::entries);
+        Hall hall = allFull();
         same("a move with a full journal", Check.outcome(() -> hall.move(0, 0, 24, 1)), "IllegalStateException");
         same("entries after it", hall.entries(), 150);
-        WareHall other = eightEntries();
+        Hall other = eightEntries();
         other.addItem('A');
         other.addSubstitute(0, 1, 1);
         other.promise(0, 1, 8, false);
@@ -117,16 +117,16 @@ public final class JournalEdgesTest extends Edges {
     }
 
     private static void promise34Kinds() {
-        eightAnswers(WareHall::entryKind, 'r', 'r', 'm', 'p', 'p', 'c', 'c', 'd');
+        eightAnswers(Hall::entryKind, 'r', 'r', 'm', 'p', 'p', 'c', 'c', 'd');
     }
 
     private static void promise34NoSuchEntry() {
-        noSuchEntry(WareHall::entryKind);
+        noSuchEntry(Hall::entryKind);
     }
 
     private static void promise35Lots() {
-        eightAnswers(WareHall::entryLot, 0, 1, 1, 1, 1, 0, 0, 1);
-        WareHall hall = Check.hallWith("A");
+        eightAnswers(Hall::entryLot, 0, 1, 1, 1, 1, 0, 0, 1);
+        Hall hall = Check.hallWith("A");
         for (int lot = 0; lot < 24; lot++) {
             hall.receive(0, 1, 9, 0);
             same("the lot of the entry " + lot, hall.entryLot(lot), lot);
@@ -134,28 +134,28 @@ public final class JournalEdgesTest extends Edges {
     }
 
     private static void promise35NoSuchEntry() {
-        noSuchEntry(WareHall::entryLot);
+        noSuchEntry(Hall::entryLot);
     }
 
     private static void promise36BinOrNone() {
-        eightAnswers(WareHall::entryFrom, -1, -1, 0, 0, 21, 39, -1, 21);
+        eightAnswers(Hall::entryFrom, -1, -1, 0, 0, 21, 39, -1, 21);
     }
 
     private static void promise36NoSuchEntry() {
-        noSuchEntry(WareHall::entryFrom);
+        noSuchEntry(Hall::entryFrom);
     }
 
     private static void promise37BinOrNone() {
-        eightAnswers(WareHall::entryTo, 39, 0, 21, -1, -1, -1, 0, -1);
+        eightAnswers(Hall::entryTo, 39, 0, 21, -1, -1, -1, 0, -1);
     }
 
     private static void promise37NoSuchEntry() {
-        noSuchEntry(WareHall::entryTo);
+        noSuchEntry(Hall::entryTo);
     }
 
     private static void promise38Quantities() {
-        eightAnswers(WareHall::entryQuantity, 30, 8, 2, 6, 1, 29, 29, 1);
-        WareHall hall = Check.hallWith("A");
+        eightAnswers(Hall::entryQuantity, 30, 8, 2, 6, 1, 29, 29, 1);
+        Hall hall = Check.hallWith("A");
         hall.receive(0, 1, 9, 0);
         hall.count(0, 0, 30);
         hall.count(1, 0, 30);
@@ -167,12 +167,12 @@ public final class JournalEdgesTest extends Edges {
     }
 
     private static void promise38NoSuchEntry() {
-        noSuchEntry(WareHall::entryQuantity);
+        noSuchEntry(Hall::entryQuantity);
     }
 
     /** Something happens on each of the days from 0 to 4. */
-    private static WareHall fiveDays() {
-        WareHall hall = Check.hallWith("AB");
+    private static Hall fiveDays() {
+        Hall hall = Check.hallWith("AB");
         hall.receive(0, 9, 3, 39);
         hall.receive(1, 5, 99, 39);
         hall.pass(1);
@@ -196,7 +196,7 @@ public final class JournalEdgesTest extends Edges {
             accepts(JournalEdgesTest::fiveDays, due[day], "on the day " + day, hall -> hall.onHandOn(0, day));
             accepts(JournalEdgesTest::fiveDays, 5, "another item, day " + day, hall -> hall.onHandOn(1, day));
         }
-        WareHall hall = fiveDays();
+        Hall hall = fiveDays();
         hall.pass(30);
         hall.receive(0, 1, 99, 20);
         same("on the day 0, as before", hall.onHandOn(0, 0), 9);
@@ -207,7 +207,7 @@ public final class JournalEdgesTest extends Edges {
     }
 
     private static void promise39ExpiredOrNot() {
-        WareHall hall = Check.hallWith("A");
+        Hall hall = Check.hallWith("A");
         hall.receive(0, 9, 0, 5);
         hall.pass(1);
         same("on its last day", hall.onHandOn(0, 0), 9);
@@ -219,7 +219,7 @@ public final class JournalEdgesTest extends Edges {
     }
 
     private static void promise39PresentDay() {
-        WareHall hall = Check.hallWith("A");
+        Hall hall = Check.hallWith("A");
         same("nothing has happened", hall.onHandOn(0, 0), 0);
         hall.receive(0, 9, 0, 5);
         same("after receiving", hall.onHandOn(0, 0), 9);
@@ -237,7 +237,7 @@ public final class JournalEdgesTest extends Edges {
         refuses(JournalEdgesTest::fiveDays, INDEX, "item -1", hall -> hall.onHandOn(-1, 0));
         accepts(JournalEdgesTest::fiveDays, 5, "item 1 of 2", hall -> hall.onHandOn(1, 0));
         refuses(JournalEdgesTest::fiveDays, INDEX, "item 2 of 2", hall -> hall.onHandOn(2, 0));
-        refuses(WareHall::new, INDEX, "item 0 of none", hall -> hall.onHandOn(0, 0));
+        refuses(Hall::new, INDEX, "item 0 of none", hall -> hall.onHandOn(0, 0));
         accepts(() -> Check.hallWith("ABCABC"), 0, "item 5 of 6", hall -> hall.onHandOn(5, 0));
         refuses(() -> Check.hallWith("ABCABC"), INDEX, "item 6 of 6", hall -> hall.onHandOn(6, 0));
     }
@@ -256,8 +256,8 @@ public final class JournalEdgesTest extends Edges {
         refuses(JournalEdgesTest::fiveDays, INDEX, "no item, day 5", hall -> hall.onHandOn(-1, 5));
     }
 
-    private static WareHall promises(int number) {
-        WareHall hall = Check.hallWith("A");
+    private static Hall promises(int number) {
+        Hall hall = Check.hallWith("A");
         hall.receive(0, 30, 60, 0);
         for (int promise = 0; promise < number; promise++) {
             hall.promise(0, 1, 20, false);
@@ -266,7 +266,7 @@ public final class JournalEdgesTest extends Edges {
     }
 
     private static void promise40Share() {
-        accepts(Edges::allStatuses, 0.25f, "one picked of four that ended", WareHall::served);
+        accepts(Edges::allStatuses, 0.25f, "one picked of four that ended", Hall::served);
         accepts(() -> promises(2), 0.0f, "one cancelled, one open", hall -> {
             hall.cancel(1);
             return hall.served();
@@ -287,7 +287,7 @@ public final class JournalEdgesTest extends Edges {
 
     private static void promise40Float() {
         for (int ended = 1; ended <= 20; ended++) {
-            WareHall hall = promises(20);
+            Hall hall = promises(20);
             for (int promise = 0; promise < ended; promise++) {
                 hall.cancel(promise);
             }
@@ -298,7 +298,7 @@ public final class JournalEdgesTest extends Edges {
                 same(picked + " of " + (promise + 1), hall.served(), (float) picked / (float) (promise + 1));
             }
         }
-        WareHall third = promises(3);
+        Hall third = promises(3);
         third.cancel(0);
         third.cancel(1);
         third.pick(2);
@@ -306,8 +306,8 @@ public final class JournalEdgesTest extends Edges {
     }
 
     private static void promise40AllOpen() {
-        refuses(() -> promises(1), NO_ELEMENT, "one open", WareHall::served);
-        refuses(() -> promises(20), NO_ELEMENT, "twenty open", WareHall::served);
+        refuses(() -> promises(1), NO_ELEMENT, "one open", Hall::served);
+        refuses(() -> promises(20), NO_ELEMENT, "twenty open", Hall::served);
         accepts(() -> promises(20), 1.0f, "one of twenty picked", hall -> {
             hall.pick(7);
             return hall.served();
@@ -315,7 +315,7 @@ public final class JournalEdgesTest extends Edges {
     }
 
     private static void promise40None() {
-        refuses(WareHall::new, NO_ELEMENT, "a new object", WareHall::served);
-        refuses(() -> promises(0), NO_ELEMENT, "no promises", WareHall::served);
+        refuses(Hall::new, NO_ELEMENT, "a new object", Hall::served);
+        refuses(() -> promises(0), NO_ELEMENT, "no promises", Hall::served);
     }
 }

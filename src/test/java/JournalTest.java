@@ -16,7 +16,7 @@ public final class JournalTest {
         CHECK.end("JournalTest");
     }
 
-    private static void entry(WareHall hall, int entry, char kind, int... due) {
+    private static void entry(Hall hall, int entry, char kind, int... due) {
         CHECK.same("kind of " + entry, hall.entryKind(entry), kind);
         CHECK.same("lot of " + entry, hall.entryLot(entry), due[0]);
         CHECK.same("from of " + entry, hall.entryFrom(entry), due[1]);
@@ -25,7 +25,7 @@ public final class JournalTest {
     }
 
     private static void entries() {
-        WareHall hall = new WareHall();
+        Hall hall = new Hall();
         hall.addItem('A');
         CHECK.same("none", hall.entries(), 0);
         hall.receive(0, 9, 8, 39);
@@ -52,7 +52,7 @@ public final class JournalTest {
     }
 
     private static void wrongEntries() {
-        WareHall hall = new WareHall();
+        Hall hall = new Hall();
         hall.addItem('A');
         CHECK.refuses("no entry yet", hall, INDEX, () -> hall.entryKind(0));
         hall.receive(0, 9, 8, 39);
@@ -66,7 +66,7 @@ public final class JournalTest {
     }
 
     private static void onHandOn() {
-        WareHall hall = new WareHall();
+        Hall hall = new Hall();
         hall.addItem('A');
         hall.addItem('B');
         hall.receive(0, 9, 3, 39);
@@ -96,7 +96,7 @@ public final class JournalTest {
     }
 
     private static void wrongOnHandOn() {
-        WareHall hall = new WareHall();
+        Hall hall = new Hall();
         hall.addItem('A');
         hall.pass(2);
         CHECK.refuses("item -1", hall, INDEX, () -> hall.onHandOn(-1, -1));
@@ -107,7 +107,7 @@ public final class JournalTest {
     }
 
     private static void served() {
-        WareHall hall = new WareHall();
+        Hall hall = new Hall();
         hall.addItem('A');
         hall.receive(0, 30, 50, 39);
         CHECK.refuses("no promises", hall, NO_ELEMENT, hall::served);
@@ -131,7 +131,7 @@ public final class JournalTest {
         hall.pick(6);
         CHECK.same("five of eight", hall.served(), 5.0f / 8.0f);
 
-        WareHall all = new WareHall();
+        Hall all = new Hall();
         all.addItem('A');
         all.receive(0, 30, 50, 39);
         all.promise(0, 1, 5, false);

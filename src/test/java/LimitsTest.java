@@ -1,21 +1,25 @@
+import java.util.List;
+
 /** An object that is full in every way: 6 items, 24 lots, 40 full bins, 20 promises, 150 entries. */
-public final class LimitsTest {
-    private static final Check CHECK = new Check();
+public final class LimitsTest extends Edges {
     private static final int[] ODD = {Integer.MIN_VALUE, -1, 0, 1, 5, 6, 9, 10, 19, 20, 23, 24, 30, 31, 39, 40, 60,
             61, 149, 150, Integer.MAX_VALUE};
+    private static Scene scene = Hall::new;
+    private static Hall asked = scene.make();
 
     public static void main(String[] args) {
-        WareHall hall = fullHall();
-        ask(hall);
-        hall.pass(1);
-        ask(hall);
+        Hall full = fullHall();
+        ask(full);
+        full.pass(1);
+        ask(full);
         breakTwenty();
-        nothingElseIsThrown();
+        nothingElseIsThrown(LimitsTest::fullHall);
+        nothingElseIsThrown(Hall::new);
         CHECK.end("LimitsTest");
     }
 
-    private static WareHall fullHall() {
-        WareHall hall = new WareHall();
+    private static Hall fullHall() {
+        Hall hall = new Hall();
         for (int item = 0; item < 6; item++) {
             hall.addItem('C');
         }
@@ -41,7 +45,7 @@ public final class LimitsTest {
         return hall;
     }
 
-    private static void ask(WareHall hall) {
+    private static void ask(Hall hall) {
         CHECK.same("entries", hall.entries(), 150);
         CHECK.same("on hand", hall.onHand(5), 600);
         CHECK.same("on hand of the first", hall.onHand(0), 120);
@@ -64,7 +68,7 @@ public final class LimitsTest {
     }
 
     private static void breakTwenty() {
-        WareHall hall = new WareHall();
+        Hall hall = new Hall();
         hall.addItem('A');
         hall.receive(0, 20, 60, 0);
         for (int promise = 0; promise < 20; promise++) {
@@ -76,7 +80,7 @@ public final class LimitsTest {
         CHECK.same("all the others", hall.count(0, 0, 0), 19);
         CHECK.same("the first", hall.status(0), 'b');
 
-        WareHall all = new WareHall();
+        Hall all = new Hall();
         all.addItem('A');
         all.receive(0, 20, 60, 0);
         for (int promise = 0; promise < 20; promise++) {
@@ -86,76 +90,73 @@ public final class LimitsTest {
         CHECK.same("none served", all.served(), 0.0f);
     }
 
-    /** Odd numbers everywhere: whatever is thrown is one of the exceptions of the face, by its own name. */
-    private static void nothingElseIsThrown() {
-        for (WareHall hall : new WareHall[] {fullHall(), new WareHall()}) {
-            for (int a : ODD) {
-                one(hall, a);
-                for (int b : ODD) {
-                    two(hall, a, b);
-                }
+    /** Odd numbers everywhere: whatever is thrown is one of the exceptions of the face, and WareHall throws it. */
+    private static void nothingElseIsThrown(Scene newScene) {
+        scene = newScene;
+        asked = scene.make();
+        for (int a : ODD) {
+            one(a);
+            for (int b : ODD) {
+                two(a, b);
             }
         }
     }
 
-    private static void allowed(Check.Call call) {
-        try {
-            call.run();
-        } catch (RuntimeException e) {
-            // An exception that the machine throws has a name of its own or comes from within the library.
-            String thrown = e.getClass().getSimpleName() + " " + e.getStackTrace()[0].getClassName();
-            boolean right = thrown.equals("IndexOutOfBoundsException WareHall")
-                    || thrown.equals("IllegalArgumentException WareHall")
-                    || thrown.equals("IllegalStateException WareHall")
-                    || thrown.equals("NoSuchElementException WareHall")
-                    || thrown.equals("UnsupportedOperationException WareHall");
-            CHECK.same(thrown + " is allowed", right, true);
+    private static void allowed(HallCall call) {
+        if (asked.callsLeft() == 0) {
+            asked = scene.make();
         }
+        String thrown = thrownBy(asked, call);
+        boolean right = thrown.startsWith("answer ");
+        for (Class<?> exception : List.of(INDEX, ARGUMENT, STATE, NO_ELEMENT, UNSUPPORTED)) {
+            right |= thrown.equals(exception.getSimpleName() + " thrown by WareHall");
+        }
+        CHECK.same(thrown + " is allowed", right, true);
     }
 
-    private static void one(WareHall hall, int a) {
-        allowed(() -> hall.addItem((char) a));
-        allowed(() -> hall.dispose(a));
-        allowed(() -> hall.cancel(a));
-        allowed(() -> hall.pick(a));
-        allowed(() -> hall.status(a));
-        allowed(() -> hall.pickLines(a));
-        allowed(() -> hall.walk(a));
-        allowed(() -> hall.walkByTrying(a));
-        allowed(() -> hall.pass(a));
-        allowed(() -> hall.countDay(a));
-        allowed(() -> hall.load(a));
-        allowed(() -> hall.onHand(a));
-        allowed(() -> hall.expired(a));
-        allowed(() -> hall.entryKind(a));
-        allowed(() -> hall.entryLot(a));
-        allowed(() -> hall.entryFrom(a));
-        allowed(() -> hall.entryTo(a));
-        allowed(() -> hall.entryQuantity(a));
-        allowed(() -> hall.served());
-        allowed(() -> hall.nextCount());
-        allowed(() -> hall.countsDue());
+    private static void one(int a) {
+        allowed(h -> h.addItem((char) a));
+        allowed(h -> h.dispose(a));
+        allowed(h -> h.cancel(a));
+        allowed(h -> h.pick(a));
+        allowed(h -> h.status(a));
+        allowed(h -> h.pickLines(a));
+        allowed(h -> h.walk(a));
+        allowed(h -> h.walkByTrying(a));
+        allowed(h -> h.pass(a));
+        allowed(h -> h.countDay(a));
+        allowed(h -> h.load(a));
+        allowed(h -> h.onHand(a));
+        allowed(h -> h.expired(a));
+        allowed(h -> h.entryKind(a));
+        allowed(h -> h.entryLot(a));
+        allowed(h -> h.entryFrom(a));
+        allowed(h -> h.entryTo(a));
+        allowed(h -> h.entryQuantity(a));
+        allowed(h -> h.served());
+        allowed(h -> h.nextCount());
+        allowed(h -> h.countsDue());
     }
 
-    private static void two(WareHall hall, int a, int b) {
-        allowed(() -> hall.quantity(a, b));
-        allowed(() -> hall.available(a, b));
-        allowed(() -> hall.availableByTrying(a, b));
-        allowed(() -> hall.pickBin(a, b));
-        allowed(() -> hall.pickLot(a, b));
-        allowed(() -> hall.pickQuantity(a, b));
-        allowed(() -> hall.stock(a, b));
-        allowed(() -> hall.stockByJournal(a, b));
-        allowed(() -> hall.nextLot(a, b));
-        allowed(() -> hall.onHandOn(a, b));
+    private static void two(int a, int b) {
+        allowed(h -> h.quantity(a, b));
+        allowed(h -> h.available(a, b));
+        allowed(h -> h.availableByTrying(a, b));
+        allowed(h -> h.pickBin(a, b));
+        allowed(h -> h.pickLot(a, b));
+        allowed(h -> h.pickQuantity(a, b));
+        allowed(h -> h.stock(a, b));
+        allowed(h -> h.stockByJournal(a, b));
+        allowed(h -> h.nextLot(a, b));
+        allowed(h -> h.onHandOn(a, b));
         for (int c : ODD) {
-            allowed(() -> hall.addSubstitute(a, b, c));
-            allowed(() -> hall.count(a, b, c));
-            allowed(() -> hall.promise(a, b, c, true));
-            allowed(() -> hall.promise(a, b, c, false));
+            allowed(h -> h.addSubstitute(a, b, c));
+            allowed(h -> h.count(a, b, c));
+            allowed(h -> h.promise(a, b, c, true));
+            allowed(h -> h.promise(a, b, c, false));
             for (int d : new int[] {-1, 0, 1, 30, 39, 40}) {
-                allowed(() -> hall.receive(a, b, c, d));
-                allowed(() -> hall.move(a, b, c, d));
+                allowed(h -> h.receive(a, b, c, d));
+                allowed(h -> h.move(a, b, c, d));
             }
         }
     }

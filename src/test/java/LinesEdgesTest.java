@@ -58,16 +58,16 @@ public final class LinesEdgesTest extends Edges {
     }
 
     interface LineCall {
-        int on(WareHall hall, int promise, int line);
+        int on(Hall hall, int promise, int line);
     }
 
     interface PromiseCall {
-        int on(WareHall hall, int promise);
+        int on(Hall hall, int promise);
     }
 
     /** The promise 0 has the lines 8/1/5 19/0/4 19/2/2 33/0/3 at first, and so it can be picked. */
-    private static WareHall fourLines() {
-        WareHall hall = Check.hallWith("AB");
+    private static Hall fourLines() {
+        Hall hall = Check.hallWith("AB");
         hall.addSubstitute(0, 1, 1);
         hall.receive(0, 7, 20, 19);
         hall.receive(0, 5, 10, 8);
@@ -78,14 +78,14 @@ public final class LinesEdgesTest extends Edges {
         return hall;
     }
 
-    private static WareHall fourPicked() {
-        WareHall hall = fourLines();
+    private static Hall fourPicked() {
+        Hall hall = fourLines();
         hall.pick(0);
         return hall;
     }
 
-    private static WareHall twenty() {
-        WareHall hall = Check.hallWith("A");
+    private static Hall twenty() {
+        Hall hall = Check.hallWith("A");
         hall.receive(0, 20, 20, 19);
         for (int promise = 0; promise < 20; promise++) {
             hall.promise(0, 1, 10, false);
@@ -96,7 +96,7 @@ public final class LinesEdgesTest extends Edges {
     private static void noSuchPromise(PromiseCall call) {
         refuses(Edges::allStatuses, INDEX, "promise -1", hall -> call.on(hall, -1));
         refuses(Edges::allStatuses, INDEX, "promise 5 of 5", hall -> call.on(hall, 5));
-        refuses(WareHall::new, INDEX, "promise 0 of none", hall -> call.on(hall, 0));
+        refuses(Hall::new, INDEX, "promise 0 of none", hall -> call.on(hall, 0));
         refuses(LinesEdgesTest::twenty, INDEX, "promise 20 of 20", hall -> call.on(hall, 20));
         same("promise 19 of 20", thrownBy(twenty(), hall -> call.on(hall, 19)).startsWith("answer "), true);
         same("promise 0 of 20", thrownBy(twenty(), hall -> call.on(hall, 0)).startsWith("answer "), true);
@@ -120,7 +120,7 @@ public final class LinesEdgesTest extends Edges {
         }
         // Another promise with more lines was asked for before.
         Scene oneLine = () -> {
-            WareHall hall = fourLines();
+            Hall hall = fourLines();
             hall.promise(1, 1, 10, false);
             same("four lines", hall.pickLines(0), 4);
             return hall;
@@ -152,20 +152,20 @@ public final class LinesEdgesTest extends Edges {
     private static void promise15OpenOrPicked() {
         accepts(LinesEdgesTest::fourLines, 4, "open", hall -> hall.pickLines(0));
         accepts(LinesEdgesTest::fourPicked, 4, "picked", hall -> hall.pickLines(0));
-        WareHall hall = fourLines();
+        Hall hall = fourLines();
         hall.move(0, 19, 33, 4);
         same("open, after its goods were moved together", hall.pickLines(0), 3);
-        WareHall later = fourPicked();
+        Hall later = fourPicked();
         later.pass(30);
         same("picked, thirty days later", later.pickLines(0), 4);
     }
 
     private static void promise15Number() {
-        WareHall one = Check.hallWith("A");
+        Hall one = Check.hallWith("A");
         one.receive(0, 30, 20, 19);
         one.promise(0, 30, 20, false);
         same("the least number", one.pickLines(0), 1);
-        WareHall sixty = Check.hallWith("A");
+        Hall sixty = Check.hallWith("A");
         sixty.receive(0, 30, 20, 0);
         sixty.receive(0, 30, 20, 39);
         for (int step = 1; step < 30; step++) {
@@ -182,17 +182,17 @@ public final class LinesEdgesTest extends Edges {
     }
 
     private static void promise15NoSuchPromise() {
-        noSuchPromise(WareHall::pickLines);
+        noSuchPromise(Hall::pickLines);
     }
 
     private static void promise15NeitherOpenNorPicked() {
-        neitherOpenNorPicked(WareHall::pickLines);
+        neitherOpenNorPicked(Hall::pickLines);
     }
 
     // Promises 16 to 18
 
     private static void promise16OpenAndPicked() {
-        fourAnswers(WareHall::pickBin, 8, 19, 19, 33);
+        fourAnswers(Hall::pickBin, 8, 19, 19, 33);
     }
 
     private static void promise16NoSuchPromise() {
@@ -204,15 +204,15 @@ public final class LinesEdgesTest extends Edges {
     }
 
     private static void promise16NoSuchLine() {
-        noSuchLine(WareHall::pickBin);
+        noSuchLine(Hall::pickBin);
     }
 
     private static void promise16FirstListed() {
-        lineFirstListed(WareHall::pickBin);
+        lineFirstListed(Hall::pickBin);
     }
 
     private static void promise17OpenAndPicked() {
-        fourAnswers(WareHall::pickLot, 1, 0, 2, 0);
+        fourAnswers(Hall::pickLot, 1, 0, 2, 0);
     }
 
     private static void promise17NoSuchPromise() {
@@ -224,15 +224,15 @@ public final class LinesEdgesTest extends Edges {
     }
 
     private static void promise17NoSuchLine() {
-        noSuchLine(WareHall::pickLot);
+        noSuchLine(Hall::pickLot);
     }
 
     private static void promise17FirstListed() {
-        lineFirstListed(WareHall::pickLot);
+        lineFirstListed(Hall::pickLot);
     }
 
     private static void promise18OpenAndPicked() {
-        fourAnswers(WareHall::pickQuantity, 5, 4, 2, 3);
+        fourAnswers(Hall::pickQuantity, 5, 4, 2, 3);
     }
 
     private static void promise18NoSuchPromise() {
@@ -244,18 +244,18 @@ public final class LinesEdgesTest extends Edges {
     }
 
     private static void promise18NoSuchLine() {
-        noSuchLine(WareHall::pickQuantity);
+        noSuchLine(Hall::pickQuantity);
     }
 
     private static void promise18FirstListed() {
-        lineFirstListed(WareHall::pickQuantity);
+        lineFirstListed(Hall::pickQuantity);
     }
 
     // Promises 19 and 20
 
     /** An open promise with one line in each of these bins. */
-    private static WareHall linesIn(int... bins) {
-        WareHall hall = Check.hallWith("A");
+    private static Hall linesIn(int... bins) {
+        Hall hall = Check.hallWith("A");
         hall.receive(0, bins.length, 20, bins[0]);
         for (int i = 1; i < bins.length; i++) {
             hall.move(0, bins[0], bins[i], 1);
@@ -282,7 +282,7 @@ public final class LinesEdgesTest extends Edges {
     private static void openAndPicked(PromiseCall call) {
         accepts(LinesEdgesTest::fourPicked, 48, "picked", hall -> call.on(hall, 0));
         Scene otherGoods = () -> {
-            WareHall hall = fourPicked();
+            Hall hall = fourPicked();
             hall.receive(0, 9, 30, 0);
             hall.promise(0, 9, 10, false);
             return hall;
@@ -290,7 +290,7 @@ public final class LinesEdgesTest extends Edges {
         accepts(otherGoods, 48, "picked, other goods there", hall -> call.on(hall, 0));
         accepts(otherGoods, 2, "open, other goods there", hall -> call.on(hall, 1));
         Scene moved = () -> {
-            WareHall hall = linesIn(39);
+            Hall hall = linesIn(39);
             hall.move(0, 39, 0, 1);
             return hall;
         };
@@ -298,34 +298,34 @@ public final class LinesEdgesTest extends Edges {
     }
 
     private static void promise19Shortest() {
-        shortest(WareHall::walk);
+        shortest(Hall::walk);
     }
 
     private static void promise19OpenAndPicked() {
-        openAndPicked(WareHall::walk);
+        openAndPicked(Hall::walk);
     }
 
     private static void promise19NoSuchPromise() {
-        noSuchPromise(WareHall::walk);
+        noSuchPromise(Hall::walk);
     }
 
     private static void promise19NeitherOpenNorPicked() {
-        neitherOpenNorPicked(WareHall::walk);
+        neitherOpenNorPicked(Hall::walk);
     }
 
     private static void promise20SameLength() {
-        shortest(WareHall::walkByTrying);
+        shortest(Hall::walkByTrying);
     }
 
     private static void promise20OpenAndPicked() {
-        openAndPicked(WareHall::walkByTrying);
+        openAndPicked(Hall::walkByTrying);
     }
 
     private static void promise20NoSuchPromise() {
-        noSuchPromise(WareHall::walkByTrying);
+        noSuchPromise(Hall::walkByTrying);
     }
 
     private static void promise20NeitherOpenNorPicked() {
-        neitherOpenNorPicked(WareHall::walkByTrying);
+        neitherOpenNorPicked(Hall::walkByTrying);
     }
 }

@@ -22,7 +22,7 @@ public final class LinesTest {
     }
 
     /** The lines as "bin/lot/quantity", one after the other. */
-    private static void lines(WareHall hall, int promise, String... due) {
+    private static void lines(Hall hall, int promise, String... due) {
         CHECK.same("pickLines", hall.pickLines(promise), due.length);
         for (int line = 0; line < Math.min(due.length, hall.pickLines(promise)); line++) {
             String got = hall.pickBin(promise, line) + "/" + hall.pickLot(promise, line) + "/"
@@ -32,7 +32,7 @@ public final class LinesTest {
     }
 
     private static void orderOfLots() {
-        WareHall hall = Check.hallWith("A");
+        Hall hall = Check.hallWith("A");
         hall.receive(0, 5, 20, 0);
         hall.receive(0, 5, 10, 1);
         hall.receive(0, 5, 20, 2);
@@ -44,7 +44,7 @@ public final class LinesTest {
     }
 
     private static void orderOfRoute() {
-        WareHall hall = Check.hallWith("A");
+        Hall hall = Check.hallWith("A");
         int[] route = {3, 8, 19, 15, 11, 20, 29, 38, 30};
         hall.receive(0, 18, 20, 11);
         for (int bin : route) {
@@ -60,7 +60,7 @@ public final class LinesTest {
     }
 
     private static void sameBinByLot() {
-        WareHall hall = Check.hallWith("AB");
+        Hall hall = Check.hallWith("AB");
         hall.addSubstitute(1, 0, 1);
         hall.receive(0, 5, 20, 14);
         hall.receive(1, 5, 20, 14);
@@ -70,7 +70,7 @@ public final class LinesTest {
     }
 
     private static void onlyWhatLastsAndIsNeeded() {
-        WareHall hall = Check.hallWith("AB");
+        Hall hall = Check.hallWith("AB");
         hall.receive(0, 5, 4, 0);
         hall.receive(0, 5, 5, 1);
         hall.receive(1, 5, 5, 2);
@@ -83,7 +83,7 @@ public final class LinesTest {
     }
 
     private static void linesFollowTheGoods() {
-        WareHall hall = Check.hallWith("A");
+        Hall hall = Check.hallWith("A");
         hall.receive(0, 9, 20, 33);
         hall.promise(0, 5, 5, false);
         lines(hall, 0, "33/0/5");
@@ -95,7 +95,7 @@ public final class LinesTest {
     }
 
     private static void linesOfPickedStay() {
-        WareHall hall = Check.hallWith("A");
+        Hall hall = Check.hallWith("A");
         hall.receive(0, 9, 20, 33);
         hall.receive(0, 9, 19, 2);
         hall.promise(0, 12, 5, false);
@@ -113,7 +113,7 @@ public final class LinesTest {
     }
 
     private static void sixtyLines() {
-        WareHall hall = Check.hallWith("A");
+        Hall hall = Check.hallWith("A");
         hall.receive(0, 30, 20, 0);
         hall.receive(0, 30, 20, 39);
         for (int bin = 1; bin < 30; bin++) {
@@ -134,7 +134,7 @@ public final class LinesTest {
     }
 
     private static void wrongLines() {
-        WareHall hall = Check.hallWith("A");
+        Hall hall = Check.hallWith("A");
         hall.receive(0, 9, 20, 33);
         hall.promise(0, 5, 5, false);
         hall.promise(0, 4, 5, false);
@@ -158,7 +158,7 @@ public final class LinesTest {
     }
 
     private static void endedPromises() {
-        WareHall hall = Check.hallWith("A");
+        Hall hall = Check.hallWith("A");
         hall.receive(0, 9, 20, 33);
         hall.promise(0, 1, 5, false);
         hall.promise(0, 1, 0, false);
@@ -179,7 +179,7 @@ public final class LinesTest {
     }
 
     private static void walk(int due, int... bins) {
-        WareHall hall = Check.hallWith("A");
+        Hall hall = Check.hallWith("A");
         hall.receive(0, bins.length, 20, bins[0]);
         for (int i = 1; i < bins.length; i++) {
             hall.move(0, bins[0], bins[i], 1);

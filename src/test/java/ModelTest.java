@@ -1,13 +1,17 @@
 import java.util.Random;
+import java.util.function.Function;
 
-/** Long runs of calls on WareHall and on the model; the seeds are fixed, so that each run is the same again. */
+/**
+ * Runs of as many calls as the document allows, on WareHall and on the model; the seeds are fixed, so that each run is
+ * the same again.
+ */
 public final class ModelTest {
     private static final int RUNS = 300;
-    private static final int CALLS = 512;
+    private static final int CALLS_FOR_QUESTIONS = 40;
     private static final Check CHECK = new Check();
 
     private final Random random;
-    private final WareHall hall = new WareHall();
+    private final Hall hall = new Hall();
     private final Model model = new Model();
     private final String name;
     // Few bins make full ones, and many days make expired lots: each run has its own mixture.
@@ -16,6 +20,8 @@ public final class ModelTest {
     private final int wrongOneIn;
     // Few days pass, nearly all is promised and little of it is picked, so that counts break promises.
     private final boolean crowded;
+    // Questions are put to the object itself now and then; most are put to twins, which leaves more calls for it.
+    private boolean askItself = false;
     private int itemsMade = 0;
     private int promisesMade = 0;
 
@@ -36,24 +42,38 @@ public final class ModelTest {
     }
 
     private void run() {
-        for (int call = 0; call < CALLS; call++) {
-            if (call < 6 || random.nextInt(60) == 0) {
-                changeItems();
-            } else if (random.nextInt(3) == 0) {
-                changeGoods();
-            } else if (random.nextInt(3) == 0) {
-                changePromises();
-            } else if (random.nextInt(2) == 0) {
-                askForPromises();
-            } else {
-                askForGoods();
-            }
-        }
+        makeCallsUntilLeft(Hall.CALLS / 2);
+        compareAll();
+        makeCallsUntilLeft(CALLS_FOR_QUESTIONS);
         compareAll();
     }
 
-    private void same(String call, Check.Call got, Check.Call due) {
-        CHECK.same(name + call, Check.outcome(got), Check.outcome(due));
+    private void makeCallsUntilLeft(int callsLeft) {
+        for (int call = 0; hall.callsLeft() > callsLeft; call++) {
+            if (call < 6 || random.nextInt(60) == 0) {
+                changeItems();
+            } else if (random.nextInt(7) < 3) {
+                changeGoods();
+            } else if (random.nextInt(3) < 2) {
+                changePromises();
+            } else {
+                askItself = random.nextInt(10) == 0 && hall.callsLeft() > 2 * CALLS_FOR_QUESTIONS;
+                if (random.nextInt(2) == 0) {
+                    askForPromises();
+                } else {
+                    askForGoods();
+                }
+            }
+        }
+    }
+
+    private void changes(String call, Function<Hall, ?> got, Check.Call due) {
+        CHECK.same(name + call, Check.outcome(() -> got.apply(hall)), Check.outcome(due));
+    }
+
+    private void asks(String call, Function<Hall, ?> got, Check.Call due) {
+        Object answer = askItself ? Check.outcome(() -> got.apply(hall)) : hall.ask(got);
+        CHECK.same(name + call, answer, Check.outcome(due));
     }
 
     /** Mostly a number from 0 to the last one, now and then one beside them. */
@@ -103,7 +123,7 @@ public final class ModelTest {
         int item = item();
         int other = item();
         int rank = random.nextInt(2) == 0 ? from(1, 9) : 3;
-        same("addSubstitute", () -> hall.addSubstitute(item, other, rank),
+        changes("addSubstitute", h -> h.addSubstitute(item, other, rank),
                 () -> model.addSubstitute(item, other, rank));
     }
 
@@ -117,26 +137,26 @@ public final class ModelTest {
                 int item = item();
                 int expiry = random.nextInt(20) == 0 ? from(model.day(), model.day() + 99)
                         : from(model.day(), model.day() + daysUsed);
-                same("receive", () -> hall.receive(item, quantity, expiry, bin),
+                changes("receive", h -> h.receive(item, quantity, expiry, bin),
                         () -> model.receive(item, quantity, expiry, bin));
             }
             case 2 -> {
                 int from = random.nextInt(4) == 0 ? bin : binOf(lot);
-                same("move", () -> hall.move(lot, from, other, quantity),
+                changes("move", h -> h.move(lot, from, other, quantity),
                         () -> model.move(lot, from, other, quantity));
             }
-            case 3 -> same("dispose", () -> hall.dispose(lot), () -> model.dispose(lot));
+            case 3 -> changes("dispose", h -> h.dispose(lot), () -> model.dispose(lot));
             case 4 -> {
                 int counted = random.nextInt(4) == 0 ? bin : binOf(lot);
                 int found = found(lot, counted);
-                same("count", () -> hall.count(counted, lot, found), () -> model.count(counted, lot, found));
+                changes("count", h -> h.count(counted, lot, found), () -> model.count(counted, lot, found));
             }
             default -> {
                 int days = random.nextInt(4) > 0 ? 1 : from(1, Math.min(30, daysUsed));
                 if (crowded && random.nextInt(8) > 0) {
                     return;
                 }
-                same("pass", () -> hall.pass(days), () -> model.pass(days));
+                changes("pass", h -> h.pass(days), () -> model.pass(days));
             }
         }
     }
@@ -178,12 +198,12 @@ public final class ModelTest {
             }
             case 3 -> {
                 if (random.nextInt(4) == 0) {
-                    same("cancel", () -> hall.cancel(promise), () -> model.cancel(promise));
+                    changes("cancel", h -> h.cancel(promise), () -> model.cancel(promise));
                 }
             }
             default -> {
                 if (!crowded || random.nextInt(6) == 0) {
-                    same("pick", () -> hall.pick(promise), () -> model.pick(promise));
+                    changes("pick", h -> h.pick(promise), () -> model.pick(promise));
                 }
             }
         }
@@ -194,17 +214,17 @@ public final class ModelTest {
         int item = item();
         int due = due();
         int line = number(4);
-        same("status", () -> hall.status(promise), () -> model.status(promise));
-        same("quantity", () -> hall.quantity(promise, item), () -> model.quantity(promise, item));
-        same("available", () -> hall.available(item, due), () -> model.available(item, due));
-        same("availableByTrying", () -> hall.availableByTrying(item, due), () -> model.availableByTrying(item, due));
-        same("pickLines", () -> hall.pickLines(promise), () -> model.pickLines(promise));
-        same("pickBin", () -> hall.pickBin(promise, line), () -> model.pickBin(promise, line));
-        same("pickLot", () -> hall.pickLot(promise, line), () -> model.pickLot(promise, line));
-        same("pickQuantity", () -> hall.pickQuantity(promise, line), () -> model.pickQuantity(promise, line));
-        same("walk", () -> hall.walk(promise), () -> model.walk(promise));
-        same("walkByTrying", () -> hall.walkByTrying(promise), () -> model.walk(promise));
-        same("served", hall::served, model::served);
+        asks("status", h -> h.status(promise), () -> model.status(promise));
+        asks("quantity", h -> h.quantity(promise, item), () -> model.quantity(promise, item));
+        asks("available", h -> h.available(item, due), () -> model.available(item, due));
+        asks("availableByTrying", h -> h.availableByTrying(item, due), () -> model.availableByTrying(item, due));
+        asks("pickLines", h -> h.pickLines(promise), () -> model.pickLines(promise));
+        asks("pickBin", h -> h.pickBin(promise, line), () -> model.pickBin(promise, line));
+        asks("pickLot", h -> h.pickLot(promise, line), () -> model.pickLot(promise, line));
+        asks("pickQuantity", h -> h.pickQuantity(promise, line), () -> model.pickQuantity(promise, line));
+        asks("walk", h -> h.walk(promise), () -> model.walk(promise));
+        asks("walkByTrying", h -> h.walkByTrying(promise), () -> model.walk(promise));
+        asks("served", Hall::served, model::served);
     }
 
     private void askForGoods() {
@@ -214,31 +234,32 @@ public final class ModelTest {
         int entry = number(model.entries());
         int due = due();
         int day = from(0, model.day());
-        same("day", hall::day, model::day);
-        same("countsDue", hall::countsDue, model::countsDue);
-        same("nextCount", hall::nextCount, model::nextCount);
-        same("countDay", () -> hall.countDay(bin), () -> model.countDay(bin));
-        same("stock", () -> hall.stock(lot, bin), () -> model.stock(lot, bin));
-        same("stockByJournal", () -> hall.stockByJournal(lot, bin), () -> model.stock(lot, bin));
-        same("load", () -> hall.load(bin), () -> model.load(bin));
-        same("lots", hall::lots, model::lots);
-        same("nextLot", () -> hall.nextLot(item, due), () -> model.nextLot(item, due));
-        same("onHand", () -> hall.onHand(item), () -> model.onHand(item));
-        same("expired", () -> hall.expired(item), () -> model.expired(item));
-        same("onHandOn", () -> hall.onHandOn(item, day), () -> model.onHandOn(item, day));
+        asks("day", Hall::day, model::day);
+        asks("countsDue", Hall::countsDue, model::countsDue);
+        asks("nextCount", Hall::nextCount, model::nextCount);
+        asks("countDay", h -> h.countDay(bin), () -> model.countDay(bin));
+        asks("stock", h -> h.stock(lot, bin), () -> model.stock(lot, bin));
+        asks("stockByJournal", h -> h.stockByJournal(lot, bin), () -> model.stock(lot, bin));
+        asks("load", h -> h.load(bin), () -> model.load(bin));
+        asks("lots", Hall::lots, model::lots);
+        asks("nextLot", h -> h.nextLot(item, due), () -> model.nextLot(item, due));
+        asks("onHand", h -> h.onHand(item), () -> model.onHand(item));
+        asks("expired", h -> h.expired(item), () -> model.expired(item));
+        asks("onHandOn", h -> h.onHandOn(item, day), () -> model.onHandOn(item, day));
         compareEntry(entry);
     }
 
     private void compareEntry(int entry) {
-        same("entries", hall::entries, model::entries);
-        same("entryKind", () -> hall.entryKind(entry), () -> model.entryKind(entry));
-        same("entryLot", () -> hall.entryLot(entry), () -> model.entryLot(entry));
-        same("entryFrom", () -> hall.entryFrom(entry), () -> model.entryFrom(entry));
-        same("entryTo", () -> hall.entryTo(entry), () -> model.entryTo(entry));
-        same("entryQuantity", () -> hall.entryQuantity(entry), () -> model.entryQuantity(entry));
+        asks("entries", Hall::entries, model::entries);
+        asks("entryKind", h -> h.entryKind(entry), () -> model.entryKind(entry));
+        asks("entryLot", h -> h.entryLot(entry), () -> model.entryLot(entry));
+        asks("entryFrom", h -> h.entryFrom(entry), () -> model.entryFrom(entry));
+        asks("entryTo", h -> h.entryTo(entry), () -> model.entryTo(entry));
+        asks("entryQuantity", h -> h.entryQuantity(entry), () -> model.entryQuantity(entry));
     }
 
     private void compareAll() {
+        askItself = false;
         for (int entry = 0; entry < model.entries(); entry++) {
             compareEntry(entry);
         }
@@ -246,15 +267,15 @@ public final class ModelTest {
             for (int bin = 0; bin < 40; bin++) {
                 int thisLot = lot;
                 int thisBin = bin;
-                same("stock", () -> hall.stock(thisLot, thisBin), () -> model.stock(thisLot, thisBin));
-                same("stockByJournal", () -> hall.stockByJournal(thisLot, thisBin),
+                asks("stock", h -> h.stock(thisLot, thisBin), () -> model.stock(thisLot, thisBin));
+                asks("stockByJournal", h -> h.stockByJournal(thisLot, thisBin),
                         () -> model.stock(thisLot, thisBin));
             }
         }
         for (int promise = 0; promise < promisesMade; promise++) {
             int number = promise;
-            same("status", () -> hall.status(number), () -> model.status(number));
-            same("walk", () -> hall.walk(number), () -> model.walk(number));
+            asks("status", h -> h.status(number), () -> model.status(number));
+            asks("walk", h -> h.walk(number), () -> model.walk(number));
         }
     }
 }

@@ -84,8 +84,8 @@ public final class PromisesEdgesTest extends Edges {
     // Making promises
 
     /** Two items, on the day 5: 90 units of the item 0, none of the item 1, nothing promised. */
-    private static WareHall ninety() {
-        WareHall hall = Check.hallWith("AB");
+    private static Hall ninety() {
+        Hall hall = Check.hallWith("AB");
         hall.receive(0, 30, 90, 0);
         hall.receive(0, 30, 90, 11);
         hall.receive(0, 30, 90, 22);
@@ -94,8 +94,8 @@ public final class PromisesEdgesTest extends Edges {
     }
 
     /** So many promises of one unit of the item 0, due on the day 10. */
-    private static WareHall promises(int number) {
-        WareHall hall = ninety();
+    private static Hall promises(int number) {
+        Hall hall = ninety();
         for (int promise = 0; promise < number; promise++) {
             hall.promise(0, 1, 10, false);
         }
@@ -103,7 +103,7 @@ public final class PromisesEdgesTest extends Edges {
     }
 
     private static void promise8Makes() {
-        WareHall hall = ninety();
+        Hall hall = ninety();
         hall.promise(0, 60, 10, false);
         same("status", hall.status(0), 'o');
         same("quantity", hall.quantity(0, 0), 60);
@@ -113,7 +113,7 @@ public final class PromisesEdgesTest extends Edges {
     }
 
     private static void promise8Number() {
-        WareHall hall = ninety();
+        Hall hall = ninety();
         for (int promise = 0; promise < 20; promise++) {
             same("promise", hall.promise(0, 2, 60 - promise, promise % 2 == 0), promise);
         }
@@ -125,10 +125,10 @@ public final class PromisesEdgesTest extends Edges {
             accepts(PromisesEdgesTest::ninety, 0, "item 0", hall -> hall.promise(0, 1, 10, substitutes));
             refuses(PromisesEdgesTest::ninety, UNSUPPORTED, "item 1", hall -> hall.promise(1, 1, 10, substitutes));
             refuses(PromisesEdgesTest::ninety, INDEX, "item 2", hall -> hall.promise(2, 1, 10, substitutes));
-            refuses(WareHall::new, INDEX, "item 0 of none", hall -> hall.promise(0, 1, 10, substitutes));
+            refuses(Hall::new, INDEX, "item 0 of none", hall -> hall.promise(0, 1, 10, substitutes));
         }
         Scene six = () -> {
-            WareHall hall = Check.hallWith("ABCABC");
+            Hall hall = Check.hallWith("ABCABC");
             hall.receive(5, 1, 10, 0);
             return hall;
         };
@@ -150,7 +150,7 @@ public final class PromisesEdgesTest extends Edges {
         accepts(PromisesEdgesTest::ninety, 0, "due 65 on day 5", hall -> hall.promise(0, 1, 65, false));
         refuses(PromisesEdgesTest::ninety, ARGUMENT, "due 66 on day 5", hall -> hall.promise(0, 1, 66, false));
         Scene dayZero = () -> {
-            WareHall hall = Check.hallWith("A");
+            Hall hall = Check.hallWith("A");
             hall.receive(0, 9, 99, 0);
             return hall;
         };
@@ -168,8 +168,8 @@ public final class PromisesEdgesTest extends Edges {
     }
 
     /** Of 20 promises some were picked, some cancelled, some broken, and the others have lapsed. */
-    private static WareHall twentyEnded() {
-        WareHall hall = promises(20);
+    private static Hall twentyEnded() {
+        Hall hall = promises(20);
         for (int promise = 0; promise < 5; promise++) {
             hall.pick(promise);
             hall.cancel(promise + 5);
@@ -183,8 +183,8 @@ public final class PromisesEdgesTest extends Edges {
     }
 
     /** 1 and 2 substitute 0, and 3 substitutes 1; 4, 3, 2 and 9 units that last to the day 10. */
-    private static WareHall fourItems() {
-        WareHall hall = Check.hallWith("ABCA");
+    private static Hall fourItems() {
+        Hall hall = Check.hallWith("ABCA");
         hall.addSubstitute(0, 2, 7);
         hall.addSubstitute(0, 1, 7);
         hall.addSubstitute(1, 3, 1);
@@ -206,7 +206,7 @@ public final class PromisesEdgesTest extends Edges {
         accepts(scene, 0, "the last item", hall -> hall.promise(3, 9, 10, true));
         refuses(scene, UNSUPPORTED, "one more, no substitutes there", hall -> hall.promise(3, 10, 10, true));
         Scene promised = () -> {
-            WareHall hall = fourItems();
+            Hall hall = fourItems();
             hall.promise(0, 9, 10, true);
             return hall;
         };
@@ -231,7 +231,7 @@ public final class PromisesEdgesTest extends Edges {
     // Cancelling
 
     private static void promise9Cancels() {
-        WareHall hall = fourItems();
+        Hall hall = fourItems();
         hall.promise(0, 9, 10, true);
         hall.cancel(0);
         same("status", hall.status(0), 'c');
@@ -243,7 +243,7 @@ public final class PromisesEdgesTest extends Edges {
 
     private static void promise9Units() {
         Scene promised = () -> {
-            WareHall hall = fourItems();
+            Hall hall = fourItems();
             hall.promise(0, 9, 10, true);
             hall.promise(3, 1, 10, true);
             return hall;
@@ -251,7 +251,7 @@ public final class PromisesEdgesTest extends Edges {
         accepts(promised, 9, "of three items", hall -> hall.cancel(0));
         accepts(promised, 1, "one unit", hall -> hall.cancel(1));
         Scene sixty = () -> {
-            WareHall hall = ninety();
+            Hall hall = ninety();
             hall.promise(0, 60, 10, false);
             return hall;
         };
@@ -284,8 +284,8 @@ public final class PromisesEdgesTest extends Edges {
     // Picking
 
     /** The promise 0 takes the whole lot 0, which is in three bins; the promise 1 takes 2 of the lot 1 in one. */
-    private static WareHall threeLines() {
-        WareHall hall = Check.hallWith("A");
+    private static Hall threeLines() {
+        Hall hall = Check.hallWith("A");
         hall.receive(0, 9, 50, 0);
         hall.receive(0, 9, 50, 30);
         hall.move(0, 0, 1, 3);
@@ -295,12 +295,12 @@ public final class PromisesEdgesTest extends Edges {
         return hall;
     }
 
-    private static WareHall threeLinesWith(int left) {
+    private static Hall threeLinesWith(int left) {
         return leaveEntries(threeLines(), left, 1, 30, 31);
     }
 
     private static void promise10Picks() {
-        WareHall hall = threeLines();
+        Hall hall = threeLines();
         hall.pick(0);
         same("status", hall.status(0), 'p');
         same("the other status", hall.status(1), 'o');
@@ -323,8 +323,8 @@ public final class PromisesEdgesTest extends Edges {
     }
 
     /** A promise of 60 units that lie one by one. */
-    private static WareHall sixtyLines() {
-        WareHall hall = Check.hallWith("A");
+    private static Hall sixtyLines() {
+        Hall hall = Check.hallWith("A");
         hall.receive(0, 30, 20, 0);
         hall.receive(0, 30, 20, 39);
         for (int step = 1; step < 30; step++) {
@@ -371,7 +371,7 @@ public final class PromisesEdgesTest extends Edges {
     // Questions
 
     private static void promise11Statuses() {
-        WareHall hall = allStatuses();
+        Hall hall = allStatuses();
         same("open", hall.status(0), 'o');
         same("picked", hall.status(1), 'p');
         same("cancelled", hall.status(2), 'c');
@@ -402,7 +402,7 @@ public final class PromisesEdgesTest extends Edges {
     }
 
     private static void promise12None() {
-        WareHall hall = fourItems();
+        Hall hall = fourItems();
         hall.promise(0, 5, 10, true);
         same("one unit of the first substitute", quantities(hall, 0, 4), "4 1 0 0");
         hall.promise(2, 2, 10, false);
@@ -427,7 +427,7 @@ public final class PromisesEdgesTest extends Edges {
         refuses(() -> promises(2), INDEX, "item 2 of 2", hall -> hall.quantity(0, 2));
         refuses(() -> promises(2), INDEX, "item 5 of 2", hall -> hall.quantity(0, 5));
         Scene six = () -> {
-            WareHall hall = Check.hallWith("ABCABC");
+            Hall hall = Check.hallWith("ABCABC");
             hall.receive(5, 2, 9, 0);
             hall.promise(5, 2, 9, false);
             return hall;
@@ -437,7 +437,7 @@ public final class PromisesEdgesTest extends Edges {
     }
 
     /** What is available for each of the days from 0 to 6, by the one call or the other. */
-    private static String availables(WareHall hall, boolean byTrying) {
+    private static String availables(Hall hall, boolean byTrying) {
         StringBuilder text = new StringBuilder();
         for (int due = 0; due <= 6; due++) {
             int units = byTrying ? hall.availableByTrying(0, due) : hall.available(0, due);
@@ -447,7 +447,7 @@ public final class PromisesEdgesTest extends Edges {
     }
 
     private static void availables(boolean byTrying) {
-        WareHall hall = Check.hallWith("AB");
+        Hall hall = Check.hallWith("AB");
         same("without lots", availables(hall, byTrying), "0 0 0 0 0 0 0");
         hall.receive(1, 30, 99, 39);
         same("with lots of another item", availables(hall, byTrying), "0 0 0 0 0 0 0");
@@ -484,8 +484,8 @@ public final class PromisesEdgesTest extends Edges {
         accepts(Edges::allFull, 117, "a full object, three promised", hall -> hall.availableByTrying(5, 60));
     }
 
-    private static WareHall manyUnits() {
-        WareHall hall = Check.hallWith("A");
+    private static Hall manyUnits() {
+        Hall hall = Check.hallWith("A");
         hall.receive(0, 30, 60, 0);
         for (int bin = 1; bin < 40; bin++) {
             hall.count(bin, 0, 30);
@@ -498,7 +498,7 @@ public final class PromisesEdgesTest extends Edges {
         accepts(PromisesEdgesTest::ninety, 90, "item 0", hall -> hall.available(0, 10));
         accepts(PromisesEdgesTest::ninety, 0, "item 1", hall -> hall.available(1, 10));
         refuses(PromisesEdgesTest::ninety, INDEX, "item 2", hall -> hall.available(2, 10));
-        refuses(WareHall::new, INDEX, "item 0 of none", hall -> hall.available(0, 10));
+        refuses(Hall::new, INDEX, "item 0 of none", hall -> hall.available(0, 10));
         accepts(() -> Check.hallWith("ABCABC"), 0, "item 5 of 6", hall -> hall.available(5, 10));
         refuses(() -> Check.hallWith("ABCABC"), INDEX, "item 6 of 6", hall -> hall.available(6, 10));
     }
@@ -524,7 +524,7 @@ public final class PromisesEdgesTest extends Edges {
         accepts(PromisesEdgesTest::ninety, 90, "item 0", hall -> hall.availableByTrying(0, 10));
         accepts(PromisesEdgesTest::ninety, 0, "item 1", hall -> hall.availableByTrying(1, 10));
         refuses(PromisesEdgesTest::ninety, INDEX, "item 2", hall -> hall.availableByTrying(2, 10));
-        refuses(WareHall::new, INDEX, "item 0 of none", hall -> hall.availableByTrying(0, 10));
+        refuses(Hall::new, INDEX, "item 0 of none", hall -> hall.availableByTrying(0, 10));
         accepts(() -> Check.hallWith("ABCABC"), 0, "item 5 of 6", hall -> hall.availableByTrying(5, 10));
         refuses(() -> Check.hallWith("ABCABC"), INDEX, "item 6 of 6", hall -> hall.availableByTrying(6, 10));
     }

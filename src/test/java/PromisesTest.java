@@ -23,13 +23,13 @@ public final class PromisesTest {
         CHECK.end("PromisesTest");
     }
 
-    private static void available(WareHall hall, int item, int due, int quantity) {
+    private static void available(Hall hall, int item, int due, int quantity) {
         CHECK.same("available(" + item + ", " + due + ")", hall.available(item, due), quantity);
         CHECK.same("availableByTrying(" + item + ", " + due + ")", hall.availableByTrying(item, due), quantity);
     }
 
     private static void promise() {
-        WareHall hall = Check.hallWith("A");
+        Hall hall = Check.hallWith("A");
         hall.receive(0, 30, 60, 0);
         hall.receive(0, 30, 60, 1);
         CHECK.same("the first", hall.promise(0, 1, 0, false), 0);
@@ -38,7 +38,7 @@ public final class PromisesTest {
         CHECK.same("open", hall.status(1), 'o');
         CHECK.same("quantity", hall.quantity(1, 0), 58);
         available(hall, 0, 0, 0);
-        WareHall much = Check.hallWith("A");
+        Hall much = Check.hallWith("A");
         much.receive(0, 30, 60, 0);
         much.receive(0, 30, 60, 1);
         much.receive(0, 30, 60, 2);
@@ -47,7 +47,7 @@ public final class PromisesTest {
     }
 
     private static void promiseFromSubstitutes() {
-        WareHall hall = Check.hallWith("ABCABC");
+        Hall hall = Check.hallWith("ABCABC");
         for (int item = 0; item < 6; item++) {
             hall.receive(item, 4, 20, item);
         }
@@ -65,14 +65,14 @@ public final class PromisesTest {
         CHECK.same("units", hall.cancel(0), 14);
     }
 
-    private static void quantities(WareHall hall, int promise, int... due) {
+    private static void quantities(Hall hall, int promise, int... due) {
         for (int item = 0; item < due.length; item++) {
             CHECK.same("quantity(" + promise + ", " + item + ")", hall.quantity(promise, item), due[item]);
         }
     }
 
     private static void substitutesAreNotFollowedFurther() {
-        WareHall hall = Check.hallWith("ABC");
+        Hall hall = Check.hallWith("ABC");
         hall.receive(0, 2, 20, 0);
         hall.receive(1, 2, 20, 1);
         hall.receive(2, 2, 20, 2);
@@ -87,7 +87,7 @@ public final class PromisesTest {
     }
 
     private static void wrongPromise() {
-        WareHall hall = Check.hallWith("A");
+        Hall hall = Check.hallWith("A");
         hall.receive(0, 30, 90, 0);
         hall.receive(0, 30, 90, 1);
         hall.receive(0, 30, 90, 2);
@@ -106,7 +106,7 @@ public final class PromisesTest {
     }
 
     private static void twentyPromises() {
-        WareHall hall = Check.hallWith("A");
+        Hall hall = Check.hallWith("A");
         hall.receive(0, 30, 90, 0);
         for (int promise = 0; promise < 20; promise++) {
             CHECK.same("promise", hall.promise(0, 1, 10, false), promise);
@@ -119,7 +119,7 @@ public final class PromisesTest {
     }
 
     private static void cancel() {
-        WareHall hall = Check.hallWith("AB");
+        Hall hall = Check.hallWith("AB");
         hall.addSubstitute(0, 1, 1);
         hall.receive(0, 5, 10, 0);
         hall.receive(1, 5, 10, 0);
@@ -142,7 +142,7 @@ public final class PromisesTest {
     }
 
     private static void pick() {
-        WareHall hall = Check.hallWith("AB");
+        Hall hall = Check.hallWith("AB");
         hall.addSubstitute(0, 1, 1);
         hall.receive(0, 5, 10, 19);
         hall.receive(0, 5, 8, 10);
@@ -162,7 +162,7 @@ public final class PromisesTest {
     }
 
     private static void wrongPick() {
-        WareHall hall = Check.hallWith("A");
+        Hall hall = Check.hallWith("A");
         hall.receive(0, 9, 50, 0);
         hall.receive(0, 9, 50, 30);
         hall.move(0, 0, 1, 3);
@@ -180,7 +180,7 @@ public final class PromisesTest {
         CHECK.refuses("once more", hall, STATE, () -> hall.pick(1));
         CHECK.same("still one entry", hall.entries(), 149);
 
-        WareHall just = Check.hallWith("A");
+        Hall just = Check.hallWith("A");
         just.receive(0, 9, 50, 0);
         just.receive(0, 9, 50, 30);
         just.move(0, 0, 1, 3);
@@ -192,7 +192,7 @@ public final class PromisesTest {
     }
 
     private static void status() {
-        WareHall hall = Check.hallWith("A");
+        Hall hall = Check.hallWith("A");
         hall.receive(0, 9, 50, 0);
         for (int promise = 0; promise < 5; promise++) {
             hall.promise(0, 1, promise == 1 ? 0 : 5, false);
@@ -216,7 +216,7 @@ public final class PromisesTest {
     }
 
     private static void quantity() {
-        WareHall hall = Check.hallWith("AB");
+        Hall hall = Check.hallWith("AB");
         hall.receive(0, 9, 50, 0);
         hall.promise(0, 7, 5, false);
         quantities(hall, 0, 7, 0);
@@ -231,7 +231,7 @@ public final class PromisesTest {
     }
 
     private static void available() {
-        WareHall hall = Check.hallWith("AB");
+        Hall hall = Check.hallWith("AB");
         available(hall, 0, 0, 0);
         hall.receive(0, 10, 5, 0);
         hall.receive(0, 8, 2, 1);
@@ -264,7 +264,7 @@ public final class PromisesTest {
         hall.count(31, 3, 30);
         available(hall, 1, 20, 90);
 
-        WareHall tomorrow = Check.hallWith("A");
+        Hall tomorrow = Check.hallWith("A");
         tomorrow.receive(0, 4, 0, 0);
         tomorrow.receive(0, 3, 9, 0);
         available(tomorrow, 0, 0, 7);
@@ -272,7 +272,7 @@ public final class PromisesTest {
     }
 
     private static void availableAfterPicking() {
-        WareHall hall = Check.hallWith("A");
+        Hall hall = Check.hallWith("A");
         hall.receive(0, 2, 10, 0);
         hall.receive(0, 2, 4, 1);
         hall.promise(0, 2, 3, false);
@@ -284,7 +284,7 @@ public final class PromisesTest {
     }
 
     private static void wrongAvailable() {
-        WareHall hall = Check.hallWith("A");
+        Hall hall = Check.hallWith("A");
         hall.receive(0, 2, 99, 0);
         hall.pass(7);
         CHECK.refuses("item -1", hall, INDEX, () -> hall.available(-1, 6));

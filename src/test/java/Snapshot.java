@@ -1,4 +1,9 @@
-/** All that an object tells of itself, as a text: each answer of each call of the face that changes nothing. */
+import java.util.function.Function;
+
+/**
+ * All that an object tells of itself, as a text: each answer of each call of the face that changes nothing. Twins of
+ * the object are asked, as many as it takes, so that none of them makes more calls than the document allows.
+ */
 final class Snapshot {
     private static final int BINS = 40;
     private static final int ITEMS = 6;
@@ -6,25 +11,38 @@ final class Snapshot {
     private static final int DAYS_TO_DUE = 60;
     private static final int DAYS_TO_EXPIRY = 99;
 
-    private final WareHall hall;
+    private final Hall hall;
+    private final int day;
     private final StringBuilder text = new StringBuilder();
 
-    private Snapshot(WareHall hall) {
+    private Snapshot(Hall hall) {
         this.hall = hall;
+        day = number(Hall::day);
     }
 
-    static String of(WareHall hall) {
+    static String of(Hall hall) {
         Snapshot snapshot = new Snapshot(hall);
         snapshot.addAll();
         return snapshot.text.toString();
     }
 
+    private int number(Function<Hall, ?> question) {
+        return hall.ask(question) instanceof Integer number ? number : 0;
+    }
+
+    private Object tell(Function<Hall, ?> question) {
+        Object answer = hall.ask(question);
+        text.append(' ').append(answer);
+        return answer;
+    }
+
     private void addAll() {
-        text.append("day ").append(hall.day()).append(" lots ").append(hall.lots());
-        text.append(" due ").append(hall.countsDue());
-        tell(hall::nextCount);
-        tell(hall::served);
-        text.append('\n');
+        text.append("day");
+        tell(Hall::day);
+        tell(Hall::lots);
+        tell(Hall::countsDue);
+        tell(Hall::nextCount);
+        tell(Hall::served);
         for (int item = 0; item <= ITEMS; item++) {
             addItem(item);
         }
@@ -37,83 +55,80 @@ final class Snapshot {
         addEntries();
     }
 
-    private void tell(Check.Call call) {
-        text.append(' ').append(Check.outcome(call));
-    }
-
     private void addItem(int item) {
-        Object onHand = Check.outcome(() -> hall.onHand(item));
-        text.append("item ").append(item).append(' ').append(onHand);
-        if (onHand instanceof Integer) {
-            tell(() -> hall.expired(item));
+        text.append("\nitem ").append(item);
+        if (tell(h -> h.onHand(item)) instanceof Integer) {
+            tell(h -> h.expired(item));
             addDaysOf(item);
         }
-        text.append('\n');
     }
 
     private void addDaysOf(int item) {
         for (int ahead = 0; ahead <= DAYS_TO_DUE; ahead++) {
-            int due = hall.day() + ahead;
-            tell(() -> hall.available(item, due));
-            tell(() -> hall.availableByTrying(item, due));
+            int due = day + ahead;
+            tell(h -> h.available(item, due));
+            tell(h -> h.availableByTrying(item, due));
         }
         text.append(" lots");
-        for (int d = 0; d <= hall.day() + DAYS_TO_EXPIRY; d++) {
+        boolean more = true;
+        for (int d = 0; more && d <= day + DAYS_TO_EXPIRY; d++) {
             int due = d;
-            Object lot = Check.outcome(() -> hall.nextLot(item, due));
-            text.append(' ').append(lot);
-            if (!(lot instanceof Integer)) {
-                break;
-            }
+            more = tell(h -> h.nextLot(item, due)) instanceof Integer;
         }
         text.append(" past");
-        for (int d = 0; d <= hall.day(); d++) {
-            int day = d;
-            tell(() -> hall.onHandOn(item, day));
+        for (int d = 0; d <= day; d++) {
+            int past = d;
+            tell(h -> h.onHandOn(item, past));
         }
     }
 
     private void addBin(int bin) {
-        text.append("bin ").append(bin).append(' ').append(hall.load(bin));
-        tell(() -> hall.countDay(bin));
-        for (int lot = 0; lot < hall.lots(); lot++) {
-            text.append(' ').append(hall.stock(lot, bin)).append('=').append(hall.stockByJournal(lot, bin));
+        text.append("\nbin ").append(bin);
+        tell(h -> h.load(bin));
+        tell(h -> h.countDay(bin));
+        int lots = number(Hall::lots);
+        for (int l = 0; l < lots; l++) {
+            int lot = l;
+            tell(h -> h.stock(lot, bin));
+            tell(h -> h.stockByJournal(lot, bin));
         }
-        text.append('\n');
     }
 
     private void addPromise(int promise) {
-        Object status = Check.outcome(() -> hall.status(promise));
-        text.append("promise ").append(promise).append(' ').append(status);
-        if (status instanceof Character) {
+        text.append("\npromise ").append(promise);
+        if (tell(h -> h.status(promise)) instanceof Character) {
             for (int i = 0; i < ITEMS; i++) {
                 int item = i;
-                tell(() -> hall.quantity(promise, item));
+                tell(h -> h.quantity(promise, item));
             }
-            tell(() -> hall.walk(promise));
-            tell(() -> hall.walkByTrying(promise));
+            tell(h -> h.walk(promise));
+            tell(h -> h.walkByTrying(promise));
             addLines(promise);
         }
-        text.append('\n');
     }
 
     private void addLines(int promise) {
-        Object lines = Check.outcome(() -> hall.pickLines(promise));
-        text.append(" lines ").append(lines);
-        int end = lines instanceof Integer number ? number : 0;
+        text.append(" lines");
+        int end = tell(h -> h.pickLines(promise)) instanceof Integer number ? number : 0;
         for (int l = 0; l <= end; l++) {
             int line = l;
-            tell(() -> hall.pickBin(promise, line));
-            tell(() -> hall.pickLot(promise, line));
-            tell(() -> hall.pickQuantity(promise, line));
+            tell(h -> h.pickBin(promise, line));
+            tell(h -> h.pickLot(promise, line));
+            tell(h -> h.pickQuantity(promise, line));
         }
     }
 
     private void addEntries() {
-        for (int entry = 0; entry < hall.entries(); entry++) {
-            text.append("entry ").append(entry).append(' ').append(hall.entryKind(entry));
-            text.append(' ').append(hall.entryLot(entry)).append(' ').append(hall.entryFrom(entry));
-            text.append(' ').append(hall.entryTo(entry)).append(' ').append(hall.entryQuantity(entry)).append('\n');
+        text.append("\nentries");
+        int entries = number(Hall::entries);
+        for (int e = 0; e <= entries; e++) {
+            int entry = e;
+            text.append("\nentry ").append(entry);
+            tell(h -> h.entryKind(entry));
+            tell(h -> h.entryLot(entry));
+            tell(h -> h.entryFrom(entry));
+            tell(h -> h.entryTo(entry));
+            tell(h -> h.entryQuantity(entry));
         }
     }
 }

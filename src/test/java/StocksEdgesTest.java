@@ -58,19 +58,19 @@ public final class StocksEdgesTest extends Edges {
     }
 
     interface StockCall {
-        int on(WareHall hall, int lot, int bin);
+        int on(Hall hall, int lot, int bin);
     }
 
     /** A lot of 30 units in the bin 0, and one of 1 unit in the bin 39. */
-    private static WareHall twoLots() {
-        WareHall hall = Check.hallWith("AB");
+    private static Hall twoLots() {
+        Hall hall = Check.hallWith("AB");
         hall.receive(0, 30, 5, 0);
         hall.receive(1, 1, 9, 39);
         return hall;
     }
 
-    private static WareHall lots(int number) {
-        WareHall hall = Check.hallWith("A");
+    private static Hall lots(int number) {
+        Hall hall = Check.hallWith("A");
         for (int lot = 0; lot < number; lot++) {
             hall.receive(0, 1, 9, 39);
         }
@@ -78,7 +78,7 @@ public final class StocksEdgesTest extends Edges {
     }
 
     private static void fromNoneToAll(StockCall call) {
-        WareHall hall = twoLots();
+        Hall hall = twoLots();
         same("a full bin", call.on(hall, 0, 0), 30);
         same("one unit", call.on(hall, 1, 39), 1);
         same("another lot", call.on(hall, 0, 39), 0);
@@ -111,7 +111,7 @@ public final class StocksEdgesTest extends Edges {
         accepts(StocksEdgesTest::twoLots, 1, "lot 1 of 2", hall -> call.on(hall, 1, 39));
         refuses(StocksEdgesTest::twoLots, INDEX, "lot 2 of 2", hall -> call.on(hall, 2, 0));
         refuses(StocksEdgesTest::twoLots, INDEX, "lot 23 of 2", hall -> call.on(hall, 23, 0));
-        refuses(WareHall::new, INDEX, "lot 0 of none", hall -> call.on(hall, 0, 0));
+        refuses(Hall::new, INDEX, "lot 0 of none", hall -> call.on(hall, 0, 0));
         accepts(() -> lots(24), 1, "lot 23 of 24", hall -> call.on(hall, 23, 39));
         refuses(() -> lots(24), INDEX, "lot 24 of 24", hall -> call.on(hall, 24, 39));
         refuses(StocksEdgesTest::twoLots, INDEX, "bin -1", hall -> call.on(hall, 0, -1));
@@ -120,17 +120,17 @@ public final class StocksEdgesTest extends Edges {
     }
 
     private static void promise26FromNoneToAll() {
-        fromNoneToAll(WareHall::stock);
+        fromNoneToAll(Hall::stock);
     }
 
     private static void promise26NoSuchLotOrBin() {
-        noSuchLotOrBin(WareHall::stock);
+        noSuchLotOrBin(Hall::stock);
     }
 
     private static void promise27FromNoneToAll() {
-        fromNoneToAll(WareHall::stockByJournal);
+        fromNoneToAll(Hall::stockByJournal);
         // A full journal tells as much as one with space.
-        WareHall hall = leaveEntries(twoLots(), 0, 0, 0, 39);
+        Hall hall = leaveEntries(twoLots(), 0, 0, 0, 39);
         for (int lot = 0; lot < 2; lot++) {
             for (int bin = 0; bin < 40; bin++) {
                 same("stock by a full journal", hall.stockByJournal(lot, bin), hall.stock(lot, bin));
@@ -139,11 +139,11 @@ public final class StocksEdgesTest extends Edges {
     }
 
     private static void promise27NoSuchLotOrBin() {
-        noSuchLotOrBin(WareHall::stockByJournal);
+        noSuchLotOrBin(Hall::stockByJournal);
     }
 
     private static void promise28FromNoneToFull() {
-        WareHall hall = Check.hallWith("AB");
+        Hall hall = Check.hallWith("AB");
         same("an empty bin", hall.load(7), 0);
         hall.receive(0, 1, 0, 7);
         same("one unit", hall.load(7), 1);
@@ -167,15 +167,15 @@ public final class StocksEdgesTest extends Edges {
         accepts(StocksEdgesTest::twoLots, 30, "bin 0", hall -> hall.load(0));
         accepts(StocksEdgesTest::twoLots, 1, "bin 39", hall -> hall.load(39));
         refuses(StocksEdgesTest::twoLots, INDEX, "bin 40", hall -> hall.load(40));
-        refuses(WareHall::new, INDEX, "bin 40 of a new object", hall -> hall.load(40));
+        refuses(Hall::new, INDEX, "bin 40 of a new object", hall -> hall.load(40));
     }
 
     private static void promise29FromNoneTo24() {
         for (int number = 0; number <= 24; number++) {
             int made = number;
-            accepts(() -> lots(made), made, "lots", WareHall::lots);
+            accepts(() -> lots(made), made, "lots", Hall::lots);
         }
-        WareHall hall = lots(24);
+        Hall hall = lots(24);
         same("a 25th lot", Check.outcome(() -> hall.receive(0, 1, 9, 0)), "IllegalStateException");
         same("lots after it", hall.lots(), 24);
         hall.count(39, 0, 0);
@@ -183,8 +183,8 @@ public final class StocksEdgesTest extends Edges {
     }
 
     /** Lots of the item 0 that expire on the days 20, 10, 10 and 15, and one of the item 1 on the day 10. */
-    private static WareHall fourExpiries() {
-        WareHall hall = Check.hallWith("AB");
+    private static Hall fourExpiries() {
+        Hall hall = Check.hallWith("AB");
         hall.receive(1, 1, 10, 0);
         hall.receive(0, 1, 20, 1);
         hall.receive(0, 1, 10, 2);
@@ -198,7 +198,7 @@ public final class StocksEdgesTest extends Edges {
         accepts(StocksEdgesTest::fourExpiries, 0, "of the other item", hall -> hall.nextLot(1, 0));
         accepts(StocksEdgesTest::fourExpiries, 4, "the earlier one with the higher number", h -> h.nextLot(0, 11));
         Scene twentyFour = () -> {
-            WareHall hall = Check.hallWith("A");
+            Hall hall = Check.hallWith("A");
             for (int lot = 0; lot < 24; lot++) {
                 hall.receive(0, 1, 99 - lot, 0);
             }
@@ -209,7 +209,7 @@ public final class StocksEdgesTest extends Edges {
     }
 
     private static void promise30HasUnits() {
-        WareHall hall = fourExpiries();
+        Hall hall = fourExpiries();
         hall.count(2, 2, 0);
         same("the next one with units", hall.nextLot(0, 0), 3);
         hall.move(3, 3, 5, 1);
@@ -234,7 +234,7 @@ public final class StocksEdgesTest extends Edges {
     }
 
     private static void promise30ExpiredOrNot() {
-        WareHall hall = fourExpiries();
+        Hall hall = fourExpiries();
         hall.pass(11);
         same("expired yesterday", hall.nextLot(0, 10), 2);
         same("not expired", hall.nextLot(0, 11), 4);
@@ -248,9 +248,9 @@ public final class StocksEdgesTest extends Edges {
         refuses(StocksEdgesTest::fourExpiries, INDEX, "item -1", hall -> hall.nextLot(-1, 0));
         accepts(StocksEdgesTest::fourExpiries, 0, "item 1 of 2", hall -> hall.nextLot(1, 0));
         refuses(StocksEdgesTest::fourExpiries, INDEX, "item 2 of 2", hall -> hall.nextLot(2, 0));
-        refuses(WareHall::new, INDEX, "item 0 of none", hall -> hall.nextLot(0, 0));
+        refuses(Hall::new, INDEX, "item 0 of none", hall -> hall.nextLot(0, 0));
         Scene six = () -> {
-            WareHall hall = Check.hallWith("ABCABC");
+            Hall hall = Check.hallWith("ABCABC");
             hall.receive(5, 1, 9, 0);
             return hall;
         };
@@ -261,13 +261,13 @@ public final class StocksEdgesTest extends Edges {
     private static void promise30None() {
         refuses(() -> Check.hallWith("A"), NO_ELEMENT, "no lots", hall -> hall.nextLot(0, 0));
         Scene otherItem = () -> {
-            WareHall hall = Check.hallWith("AB");
+            Hall hall = Check.hallWith("AB");
             hall.receive(1, 1, 9, 0);
             return hall;
         };
         refuses(otherItem, NO_ELEMENT, "lots of another item only", hall -> hall.nextLot(0, 0));
         Scene noUnits = () -> {
-            WareHall hall = lots(1);
+            Hall hall = lots(1);
             hall.count(39, 0, 0);
             return hall;
         };
@@ -281,8 +281,8 @@ public final class StocksEdgesTest extends Edges {
     }
 
     /** Of the item 0, 5 units that expire on the day 2 and 6 that expire on the day 3; 7 of the item 1. */
-    private static WareHall onDay(int day) {
-        WareHall hall = Check.hallWith("AB");
+    private static Hall onDay(int day) {
+        Hall hall = Check.hallWith("AB");
         hall.receive(0, 5, 2, 0);
         hall.receive(0, 6, 3, 0);
         hall.receive(1, 7, 2, 0);
@@ -304,7 +304,7 @@ public final class StocksEdgesTest extends Edges {
     private static void promise31FromNoneToAll() {
         accepts(() -> Check.hallWith("A"), 0, "no lots", hall -> hall.onHand(0));
         accepts(Edges::allFull, 120, "a sixth of 24 full bins", hall -> hall.onHand(5));
-        WareHall hall = Check.hallWith("A");
+        Hall hall = Check.hallWith("A");
         hall.receive(0, 30, 60, 0);
         for (int bin = 1; bin < 40; bin++) {
             hall.count(bin, 0, 30);
@@ -316,7 +316,7 @@ public final class StocksEdgesTest extends Edges {
         refuses(() -> onDay(0), INDEX, "item -1", hall -> hall.onHand(-1));
         accepts(() -> onDay(0), 7, "item 1 of 2", hall -> hall.onHand(1));
         refuses(() -> onDay(0), INDEX, "item 2 of 2", hall -> hall.onHand(2));
-        refuses(WareHall::new, INDEX, "item 0 of none", hall -> hall.onHand(0));
+        refuses(Hall::new, INDEX, "item 0 of none", hall -> hall.onHand(0));
         accepts(() -> Check.hallWith("ABCABC"), 0, "item 5 of 6", hall -> hall.onHand(5));
         refuses(() -> Check.hallWith("ABCABC"), INDEX, "item 6 of 6", hall -> hall.onHand(6));
     }
@@ -332,7 +332,7 @@ public final class StocksEdgesTest extends Edges {
 
     private static void promise32FromNoneToAll() {
         accepts(() -> Check.hallWith("A"), 0, "no lots", hall -> hall.expired(0));
-        WareHall hall = Check.hallWith("A");
+        Hall hall = Check.hallWith("A");
         hall.receive(0, 30, 0, 0);
         for (int bin = 1; bin < 40; bin++) {
             hall.count(bin, 0, 30);
@@ -341,7 +341,7 @@ public final class StocksEdgesTest extends Edges {
         same("forty full bins", hall.expired(0), 1200);
         hall.dispose(0);
         same("none after disposing", hall.expired(0), 0);
-        WareHall full = allFull();
+        Hall full = allFull();
         full.pass(30);
         full.pass(30);
         same("a full object on its last day", full.expired(5), 0);
@@ -353,7 +353,7 @@ public final class StocksEdgesTest extends Edges {
         refuses(() -> onDay(3), INDEX, "item -1", hall -> hall.expired(-1));
         accepts(() -> onDay(3), 7, "item 1 of 2", hall -> hall.expired(1));
         refuses(() -> onDay(3), INDEX, "item 2 of 2", hall -> hall.expired(2));
-        refuses(WareHall::new, INDEX, "item 0 of none", hall -> hall.expired(0));
+        refuses(Hall::new, INDEX, "item 0 of none", hall -> hall.expired(0));
         accepts(() -> Check.hallWith("ABCABC"), 0, "item 5 of 6", hall -> hall.expired(5));
         refuses(() -> Check.hallWith("ABCABC"), INDEX, "item 6 of 6", hall -> hall.expired(6));
     }

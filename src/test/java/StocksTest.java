@@ -14,13 +14,13 @@ public final class StocksTest {
         CHECK.end("StocksTest");
     }
 
-    private static void stock(WareHall hall, int lot, int bin, int due) {
+    private static void stock(Hall hall, int lot, int bin, int due) {
         CHECK.same("stock(" + lot + ", " + bin + ")", hall.stock(lot, bin), due);
         CHECK.same("stockByJournal(" + lot + ", " + bin + ")", hall.stockByJournal(lot, bin), due);
     }
 
     private static void stock() {
-        WareHall hall = Check.hallWith("AB");
+        Hall hall = Check.hallWith("AB");
         hall.receive(0, 20, 3, 7);
         hall.receive(1, 10, 30, 7);
         stock(hall, 0, 7, 20);
@@ -51,7 +51,7 @@ public final class StocksTest {
     }
 
     private static void wrongStock() {
-        WareHall hall = Check.hallWith("A");
+        Hall hall = Check.hallWith("A");
         hall.receive(0, 20, 3, 7);
         for (int wrong : new int[] {-1, 1, 24, Integer.MAX_VALUE, Integer.MIN_VALUE}) {
             CHECK.refuses("stock", hall, INDEX, () -> hall.stock(wrong, 7));
@@ -68,7 +68,7 @@ public final class StocksTest {
     }
 
     private static void nextLot() {
-        WareHall hall = Check.hallWith("AB");
+        Hall hall = Check.hallWith("AB");
         CHECK.refuses("no lots", hall, NO_ELEMENT, () -> hall.nextLot(0, 0));
         hall.receive(0, 5, 20, 0);
         hall.receive(0, 5, 10, 1);
@@ -92,7 +92,7 @@ public final class StocksTest {
     }
 
     private static void onHandAndExpired() {
-        WareHall hall = Check.hallWith("AB");
+        Hall hall = Check.hallWith("AB");
         hall.receive(0, 5, 2, 0);
         hall.receive(0, 6, 3, 0);
         hall.receive(1, 7, 2, 0);

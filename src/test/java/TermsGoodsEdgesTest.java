@@ -100,7 +100,7 @@ public final class TermsGoodsEdgesTest extends Edges {
 
     /** Just 512 calls on one object. */
     private static void whatItIsLastCall() {
-        WareHall hall = new WareHall();
+        Hall hall = new Hall();
         hall.addItem('A');
         for (int call = 2; call <= 508; call++) {
             hall.pass(30);
@@ -109,7 +109,7 @@ public final class TermsGoodsEdgesTest extends Edges {
         same("call 510", hall.promise(0, 30, 15270, false), 0);
         same("call 511", hall.pick(0), 1);
         same("call 512", hall.day(), 15210);
-        WareHall refused = new WareHall();
+        Hall refused = new Hall();
         for (int call = 1; call <= 511; call++) {
             same("a refused call", Check.outcome(() -> refused.pass(0)), "IllegalArgumentException");
         }
@@ -119,7 +119,7 @@ public final class TermsGoodsEdgesTest extends Edges {
     // Items and bins
 
     private static void itemsSix() {
-        WareHall hall = new WareHall();
+        Hall hall = new Hall();
         for (int item = 0; item < 6; item++) {
             int next = item;
             same("before it is added", Check.outcome(() -> hall.onHand(next)), "IndexOutOfBoundsException");
@@ -131,8 +131,8 @@ public final class TermsGoodsEdgesTest extends Edges {
     }
 
     /** The item 0, and five substitutes with these ranks, each with one unit. */
-    private static WareHall ranked(int... ranks) {
-        WareHall hall = Check.hallWith("ABCABC");
+    private static Hall ranked(int... ranks) {
+        Hall hall = Check.hallWith("ABCABC");
         for (int other = 1; other < 6; other++) {
             hall.addSubstitute(0, other, ranks[other - 1]);
             hall.receive(other, 1, 50, other);
@@ -141,7 +141,7 @@ public final class TermsGoodsEdgesTest extends Edges {
     }
 
     /** The substitutes in the order in which promises of one unit take them. */
-    private static String orderOf(WareHall hall) {
+    private static String orderOf(Hall hall) {
         StringBuilder order = new StringBuilder();
         for (int promise = 0; promise < 5; promise++) {
             hall.promise(0, 1, 20, true);
@@ -161,14 +161,14 @@ public final class TermsGoodsEdgesTest extends Edges {
         same("all by 1", orderOf(ranked(1, 1, 1, 1, 1)), "12345");
         same("all by 9", orderOf(ranked(9, 9, 9, 9, 9)), "12345");
         same("two by 3", orderOf(ranked(9, 3, 9, 3, 3)), "24513");
-        WareHall hall = Check.hallWith("ABC");
+        Hall hall = Check.hallWith("ABC");
         same("the higher number first", hall.addSubstitute(0, 2, 4), 1);
         same("the same rank again", hall.addSubstitute(0, 1, 4), 2);
     }
 
     /** One unit in the bin, and a promise of it. */
-    private static WareHall unitIn(int bin) {
-        WareHall hall = Check.hallWith("A");
+    private static Hall unitIn(int bin) {
+        Hall hall = Check.hallWith("A");
         hall.receive(0, 1, 50, bin);
         hall.promise(0, 1, 20, false);
         return hall;
@@ -187,7 +187,7 @@ public final class TermsGoodsEdgesTest extends Edges {
     }
 
     private static void itemsThirtyUnits() {
-        WareHall hall = Check.hallWith("AB");
+        Hall hall = Check.hallWith("AB");
         for (int lot = 0; lot < 20; lot++) {
             hall.receive(lot % 2, 1, 50, 5);
         }
@@ -207,8 +207,8 @@ public final class TermsGoodsEdgesTest extends Edges {
     }
 
     /** A unit in each bin; the lot 0 is in all of them. */
-    private static WareHall fortyUnits() {
-        WareHall hall = Check.hallWith("A");
+    private static Hall fortyUnits() {
+        Hall hall = Check.hallWith("A");
         hall.receive(0, 1, 0, 13);
         for (int bin = 39; bin >= 0; bin--) {
             hall.count(bin, 0, 1);
@@ -217,7 +217,7 @@ public final class TermsGoodsEdgesTest extends Edges {
     }
 
     private static void itemsRoute() {
-        WareHall hall = fortyUnits();
+        Hall hall = fortyUnits();
         hall.promise(0, 40, 0, false);
         for (int line = 0; line < 40; line++) {
             same("the bin of the line " + line, hall.pickBin(0, line), ROUTE[line]);
@@ -233,7 +233,7 @@ public final class TermsGoodsEdgesTest extends Edges {
     // Lots
 
     private static void lots24() {
-        WareHall hall = Check.hallWith("AB");
+        Hall hall = Check.hallWith("AB");
         for (int lot = 0; lot < 24; lot++) {
             int next = lot;
             same("before it is received", Check.outcome(() -> hall.stock(next, 39)), "IndexOutOfBoundsException");
@@ -245,7 +245,7 @@ public final class TermsGoodsEdgesTest extends Edges {
     }
 
     private static void lotsExpired() {
-        WareHall hall = Check.hallWith("A");
+        Hall hall = Check.hallWith("A");
         hall.receive(0, 3, 7, 0);
         hall.pass(7);
         same("on hand on its day", hall.onHand(0), 3);
@@ -257,13 +257,13 @@ public final class TermsGoodsEdgesTest extends Edges {
         same("expired a day later", hall.expired(0), 3);
         same("available a day later", hall.available(0, 8), 0);
         same("disposing a day later", hall.dispose(0), 3);
-        WareHall first = Check.hallWith("A");
+        Hall first = Check.hallWith("A");
         first.receive(0, 3, 0, 0);
         same("on the day 0, expired on the day 0", first.expired(0), 0);
     }
 
     private static void lotsSeveralBins() {
-        WareHall hall = fortyUnits();
+        Hall hall = fortyUnits();
         for (int bin = 0; bin < 40; bin++) {
             same("stock", hall.stock(0, bin), 1);
         }
@@ -274,7 +274,7 @@ public final class TermsGoodsEdgesTest extends Edges {
     }
 
     private static void lotsOrder() {
-        WareHall hall = Check.hallWith("AB");
+        Hall hall = Check.hallWith("AB");
         int[] expiries = {20, 10, 20, 9, 10, 11, 9};
         for (int lot = 0; lot < expiries.length; lot++) {
             hall.receive(0, 1, expiries[lot], 30 - lot);
@@ -292,7 +292,7 @@ public final class TermsGoodsEdgesTest extends Edges {
 
     private static void countingQuantity() {
         for (int found = 0; found <= 30; found++) {
-            WareHall hall = Check.hallWith("A");
+            Hall hall = Check.hallWith("A");
             hall.receive(0, 15, 50, 3);
             hall.count(3, 0, found);
             same("stock", hall.stock(0, 3), found);
@@ -303,7 +303,7 @@ public final class TermsGoodsEdgesTest extends Edges {
     }
 
     private static void countingPresentDay() {
-        WareHall hall = Check.hallWith("AC");
+        Hall hall = Check.hallWith("AC");
         hall.receive(0, 5, 50, 3);
         hall.receive(1, 5, 50, 4);
         hall.pass(3);
@@ -327,7 +327,7 @@ public final class TermsGoodsEdgesTest extends Edges {
 
     private static void countingDayZero() {
         for (int bin = 0; bin < 40; bin++) {
-            WareHall hall = Check.hallWith("A");
+            Hall hall = Check.hallWith("A");
             hall.pass(30);
             hall.receive(0, 1, 50, bin);
             same("received on the day 30", hall.countDay(bin), 5);
@@ -336,8 +336,8 @@ public final class TermsGoodsEdgesTest extends Edges {
     }
 
     /** 10 units that last to the day 90, and so many promises of one unit, due on the day 20. */
-    private static WareHall promised(int promises) {
-        WareHall hall = Check.hallWith("A");
+    private static Hall promised(int promises) {
+        Hall hall = Check.hallWith("A");
         hall.receive(0, 10, 90, 7);
         for (int promise = 0; promise < promises; promise++) {
             hall.promise(0, 1, 20, false);
@@ -350,11 +350,11 @@ public final class TermsGoodsEdgesTest extends Edges {
         accepts(() -> promised(6), 1, "one less", hall -> hall.count(7, 0, 5));
         accepts(() -> promised(6), 5, "one for six", hall -> hall.count(7, 0, 1));
         accepts(() -> promised(6), 6, "none for six", hall -> hall.count(7, 0, 0));
-        WareHall hall = promised(6);
+        Hall hall = promised(6);
         hall.count(7, 0, 4);
         same("the first four stay", statuses(hall, 6), "oooobb");
         same("nothing is left of them", hall.available(0, 20), 0);
-        WareHall large = Check.hallWith("A");
+        Hall large = Check.hallWith("A");
         large.receive(0, 10, 90, 7);
         large.promise(0, 1, 20, false);
         large.promise(0, 9, 20, false);
@@ -365,20 +365,20 @@ public final class TermsGoodsEdgesTest extends Edges {
     /** On the present day and on the 60th after it. */
     private static void countingDaysFromThePresentOne() {
         for (int ahead : new int[] {0, 1, 59, 60}) {
-            WareHall hall = Check.hallWith("A");
+            Hall hall = Check.hallWith("A");
             hall.pass(4);
             hall.receive(0, 3, 90, 7);
             hall.promise(0, 3, 4 + ahead, false);
             same("enough, " + ahead + " days ahead", hall.count(7, 0, 3), 0);
             same("one too few, " + ahead + " days ahead", hall.count(7, 0, 2), 1);
         }
-        WareHall hall = Check.hallWith("A");
+        Hall hall = Check.hallWith("A");
         hall.receive(0, 3, 90, 7);
         hall.promise(0, 3, 3, false);
         hall.pass(4);
         same("a day that has passed", hall.count(7, 0, 0), 0);
         same("its promise has lapsed", hall.status(0), 'l');
-        WareHall expired = Check.hallWith("A");
+        Hall expired = Check.hallWith("A");
         expired.receive(0, 3, 3, 7);
         expired.receive(0, 3, 90, 7);
         expired.pass(4);
@@ -388,8 +388,8 @@ public final class TermsGoodsEdgesTest extends Edges {
     }
 
     /** 5 units that last to the day 40, of which 5 are promised for the day 30; 5 to the day 10, promised for it. */
-    private static WareHall lateAndEarly() {
-        WareHall hall = Check.hallWith("A");
+    private static Hall lateAndEarly() {
+        Hall hall = Check.hallWith("A");
         hall.receive(0, 5, 40, 5);
         hall.receive(0, 5, 10, 6);
         hall.promise(0, 5, 30, false);
@@ -398,13 +398,13 @@ public final class TermsGoodsEdgesTest extends Edges {
     }
 
     private static void countingGreatestDay() {
-        WareHall late = lateAndEarly();
+        Hall late = lateAndEarly();
         same("too few late ones", late.count(5, 0, 4), 1);
         same("short on both days, the greater one is taken", statuses(late, 2), "bo");
-        WareHall early = lateAndEarly();
+        Hall early = lateAndEarly();
         same("too few early ones", early.count(6, 1, 4), 1);
         same("short on the early day only", statuses(early, 2), "ob");
-        WareHall both = lateAndEarly();
+        Hall both = lateAndEarly();
         both.count(6, 1, 10);
         both.promise(0, 5, 9, false);
         same("none late", both.count(5, 0, 0), 1);
@@ -414,7 +414,7 @@ public final class TermsGoodsEdgesTest extends Edges {
     }
 
     private static void countingDueOnItOrLater() {
-        WareHall hall = Check.hallWith("A");
+        Hall hall = Check.hallWith("A");
         hall.receive(0, 5, 40, 5);
         hall.receive(0, 9, 29, 6);
         hall.promise(0, 2, 31, false);
@@ -427,7 +427,7 @@ public final class TermsGoodsEdgesTest extends Edges {
     }
 
     private static void countingThisItem() {
-        WareHall hall = Check.hallWith("AB");
+        Hall hall = Check.hallWith("AB");
         hall.addSubstitute(0, 1, 1);
         hall.receive(0, 5, 40, 5);
         hall.receive(1, 9, 40, 6);
@@ -443,7 +443,7 @@ public final class TermsGoodsEdgesTest extends Edges {
     }
 
     private static void countingHighestNumber() {
-        WareHall hall = promised(4);
+        Hall hall = promised(4);
         hall.cancel(3);
         hall.pick(1);
         same("one for two", hall.count(7, 0, 1), 1);
@@ -454,7 +454,7 @@ public final class TermsGoodsEdgesTest extends Edges {
         int[] intervals = {5, 10, 20};
         for (int item = 0; item < 3; item++) {
             for (int counted = 0; counted <= 1; counted++) {
-                WareHall hall = Check.hallWith("ABC");
+                Hall hall = Check.hallWith("ABC");
                 hall.receive(item, 1, 99, 11);
                 if (counted > 0) {
                     hall.pass(counted);
@@ -473,7 +473,7 @@ public final class TermsGoodsEdgesTest extends Edges {
         String[] mixtures = {"AB", "BA", "AC", "CA", "BC", "CB", "ABC", "CBA"};
         int[] least = {5, 5, 5, 5, 10, 10, 5, 5};
         for (int mixture = 0; mixture < mixtures.length; mixture++) {
-            WareHall hall = Check.hallWith(mixtures[mixture]);
+            Hall hall = Check.hallWith(mixtures[mixture]);
             for (int item = 0; item < mixtures[mixture].length(); item++) {
                 hall.receive(item, 1, item, 11);
             }
@@ -481,7 +481,7 @@ public final class TermsGoodsEdgesTest extends Edges {
             hall.pass(30);
             same("expired ones of " + mixtures[mixture], hall.countDay(11), least[mixture]);
         }
-        WareHall hall = Check.hallWith("ABC");
+        Hall hall = Check.hallWith("ABC");
         for (int item = 0; item < 3; item++) {
             hall.receive(item, 1, 99, 11);
         }
@@ -492,7 +492,7 @@ public final class TermsGoodsEdgesTest extends Edges {
     }
 
     private static void countingEmptyBin() {
-        WareHall hall = Check.hallWith("A");
+        Hall hall = Check.hallWith("A");
         hall.receive(0, 1, 99, 11);
         hall.pass(30);
         same("one unit", hall.countsDue(), 1);
@@ -509,7 +509,7 @@ public final class TermsGoodsEdgesTest extends Edges {
     // Days
 
     private static void daysZero() {
-        same("day", new WareHall().day(), 0);
+        same("day", new Hall().day(), 0);
         accepts(() -> Check.hallWith("A"), 0, "a lot that expires on the day 0", hall -> hall.receive(0, 1, 0, 0));
         accepts(() -> Check.hallWith("A"), 0, "available on the day 0", hall -> hall.available(0, 0));
         accepts(() -> Check.hallWith("A"), 0, "on hand on the day 0", hall -> hall.onHandOn(0, 0));
@@ -517,7 +517,7 @@ public final class TermsGoodsEdgesTest extends Edges {
 
     private static void daysLapse() {
         for (int due = 0; due <= 29; due++) {
-            WareHall hall = Check.hallWith("A");
+            Hall hall = Check.hallWith("A");
             hall.receive(0, 1, 99, 0);
             hall.promise(0, 1, due, false);
             if (due > 0) {
@@ -534,14 +534,14 @@ public final class TermsGoodsEdgesTest extends Edges {
     // Journal
 
     private static void journal150() {
-        WareHall hall = Check.hallWith("A");
+        Hall hall = Check.hallWith("A");
         hall.receive(0, 1, 99, 0);
         for (int entry = 1; entry < 150; entry++) {
             int next = entry;
-            same("before it is written", Check.outcome(() -> hall.entryKind(next)), "IndexOutOfBoundsException");
+            same("before it is written", hall.ask(h -> h.entryKind(next)), "IndexOutOfBoundsException");
             hall.move(0, (entry - 1) % 40, entry % 40, 1);
-            same("its bin", hall.entryTo(entry), entry % 40);
-            same("entries", hall.entries(), entry + 1);
+            same("its bin", hall.ask(h -> h.entryTo(next)), entry % 40);
+            same("entries", hall.ask(Hall::entries), entry + 1);
         }
         same("a move too many", Check.outcome(() -> hall.move(0, 29, 30, 1)), "IllegalStateException");
         same("a lot too many", Check.outcome(() -> hall.receive(0, 1, 99, 0)), "IllegalStateException");
@@ -558,7 +558,7 @@ public final class TermsGoodsEdgesTest extends Edges {
     }
 
     private static void journalEntry() {
-        WareHall hall = Check.hallWith("A");
+        Hall hall = Check.hallWith("A");
         hall.receive(0, 9, 1, 39);
         same("only a bin to", entry(hall, 0), "r lot 0 from -1 to 39 of 9");
         hall.move(0, 39, 0, 9);
@@ -577,7 +577,7 @@ public final class TermsGoodsEdgesTest extends Edges {
     }
 
     private static void journalPickLines() {
-        WareHall hall = fortyUnits();
+        Hall hall = fortyUnits();
         hall.promise(0, 40, 0, false);
         hall.pick(0);
         for (int line = 0; line < 40; line++) {
@@ -588,7 +588,7 @@ public final class TermsGoodsEdgesTest extends Edges {
     }
 
     private static void journalDisposing() {
-        WareHall hall = fortyUnits();
+        Hall hall = fortyUnits();
         hall.count(12, 0, 0);
         hall.pass(1);
         hall.dispose(0);
@@ -604,7 +604,7 @@ public final class TermsGoodsEdgesTest extends Edges {
 
     private static void journalCount() {
         for (int found = 0; found <= 30; found++) {
-            WareHall hall = Check.hallWith("A");
+            Hall hall = Check.hallWith("A");
             hall.receive(0, 15, 50, 3);
             hall.count(3, 0, found);
             same("entries", hall.entries(), found == 15 ? 1 : 2);
@@ -618,13 +618,14 @@ public final class TermsGoodsEdgesTest extends Edges {
     }
 
     private static void journalStocks() {
-        for (Scene scene : new Scene[] {WareHall::new, Edges::allFull, Edges::allStatuses,
+        for (Scene scene : new Scene[] {Hall::new, Edges::allFull, Edges::allStatuses,
             TermsGoodsEdgesTest::fortyUnits, TermsGoodsEdgesTest::lateAndEarly}) {
-            WareHall hall = scene.make();
-            for (int lot = 0; lot < hall.lots(); lot++) {
-                for (int bin = 0; bin < 40; bin++) {
-                    same("stock", hall.stockByJournal(lot, bin), hall.stock(lot, bin));
-                }
+            Hall hall = scene.make();
+            int lots = hall.lots();
+            for (int place = 0; place < 40 * lots; place++) {
+                int lot = place / 40;
+                int bin = place % 40;
+                same("stock", hall.ask(h -> h.stockByJournal(lot, bin)), hall.ask(h -> h.stock(lot, bin)));
             }
         }
     }
@@ -652,7 +653,7 @@ public final class TermsGoodsEdgesTest extends Edges {
         refuses(full, INDEX, "walk", hall -> hall.walk(20));
         refuses(full, INDEX, "walkByTrying", hall -> hall.walkByTrying(20));
         refuses(full, ARGUMENT, "pass", hall -> hall.pass(31));
-        refuses(WareHall::new, NO_ELEMENT, "nextCount", WareHall::nextCount);
+        refuses(Hall::new, NO_ELEMENT, "nextCount", Hall::nextCount);
         refuses(full, NO_ELEMENT, "countDay", hall -> hall.countDay(39));
         refuses(full, INDEX, "stock", hall -> hall.stock(24, 0));
         refuses(full, INDEX, "stockByJournal", hall -> hall.stockByJournal(0, 40));
@@ -666,6 +667,6 @@ public final class TermsGoodsEdgesTest extends Edges {
         refuses(full, INDEX, "entryTo", hall -> hall.entryTo(150));
         refuses(full, INDEX, "entryQuantity", hall -> hall.entryQuantity(150));
         refuses(full, ARGUMENT, "onHandOn", hall -> hall.onHandOn(0, 1));
-        refuses(full, NO_ELEMENT, "served", WareHall::served);
+        refuses(full, NO_ELEMENT, "served", Hall::served);
     }
 }

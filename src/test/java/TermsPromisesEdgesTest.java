@@ -87,8 +87,8 @@ public final class TermsPromisesEdgesTest extends Edges {
     // Promises
 
     /** Lots that expire on the days 3, 5 and 9, all of them promised, for the days 9, 5, 4, 3 and 0. */
-    private static WareHall allPromised() {
-        WareHall hall = Check.hallWith("A");
+    private static Hall allPromised() {
+        Hall hall = Check.hallWith("A");
         hall.receive(0, 4, 9, 39);
         hall.receive(0, 6, 5, 0);
         hall.receive(0, 5, 3, 17);
@@ -101,7 +101,7 @@ public final class TermsPromisesEdgesTest extends Edges {
         return hall;
     }
 
-    private static int sumOfLines(WareHall hall, int promise) {
+    private static int sumOfLines(Hall hall, int promise) {
         int sum = 0;
         for (int line = 0; line < hall.pickLines(promise); line++) {
             sum += hall.pickQuantity(promise, line);
@@ -112,7 +112,7 @@ public final class TermsPromisesEdgesTest extends Edges {
     /** In each order in which five promises can be picked; and on its last day each can still be picked. */
     private static void promisesInFull() {
         for (int order = 0; order < 120; order++) {
-            WareHall hall = allPromised();
+            Hall hall = allPromised();
             int left = order;
             for (int waiting = 5; waiting > 0; waiting--) {
                 int promise = openOne(hall, left % waiting);
@@ -123,7 +123,7 @@ public final class TermsPromisesEdgesTest extends Edges {
             same("statuses", statuses(hall, 5), "ppppp");
             same("nothing is left", hall.onHand(0), 0);
         }
-        WareHall late = allPromised();
+        Hall late = allPromised();
         late.pick(4);
         int[] dues = {3, 4, 5, 9};
         for (int i = 0; i < dues.length; i++) {
@@ -132,15 +132,15 @@ public final class TermsPromisesEdgesTest extends Edges {
             late.pick(3 - i);
         }
         same("statuses on the day 9", statuses(late, 5), "ppppp");
-        WareHall counted = allPromised();
+        Hall counted = allPromised();
         counted.count(39, 0, 3);
         same("a count finds too little", statuses(counted, 5), "oooob");
-        WareHall lapsed = allPromised();
+        Hall lapsed = allPromised();
         lapsed.pass(1);
         same("a promise lapses", Check.outcome(() -> lapsed.pick(4)), "IllegalStateException");
     }
 
-    private static int openOne(WareHall hall, int skipped) {
+    private static int openOne(Hall hall, int skipped) {
         int promise = 0;
         int left = skipped;
         while (hall.status(promise) != 'o' || left > 0) {
@@ -151,7 +151,7 @@ public final class TermsPromisesEdgesTest extends Edges {
     }
 
     private static void promises20() {
-        WareHall hall = Check.hallWith("A");
+        Hall hall = Check.hallWith("A");
         hall.receive(0, 30, 50, 0);
         for (int promise = 0; promise < 20; promise++) {
             int next = promise;
@@ -164,7 +164,7 @@ public final class TermsPromisesEdgesTest extends Edges {
     }
 
     private static void promisesOneQuantity() {
-        WareHall hall = Check.hallWith("ABC");
+        Hall hall = Check.hallWith("ABC");
         hall.addSubstitute(0, 2, 1);
         hall.receive(2, 1, 50, 0);
         same("of a substitute only", hall.promise(0, 1, 20, true), 0);
@@ -173,13 +173,13 @@ public final class TermsPromisesEdgesTest extends Edges {
         same("of nothing", Check.outcome(() -> hall.promise(0, 0, 20, true)), "IllegalArgumentException");
     }
 
-    private static void available(WareHall hall, int due, int units) {
+    private static void available(Hall hall, int due, int units) {
         same("available(0, " + due + ")", hall.available(0, due), units);
         same("availableByTrying(0, " + due + ")", hall.availableByTrying(0, due), units);
     }
 
     private static void promisesStock() {
-        WareHall hall = Check.hallWith("AB");
+        Hall hall = Check.hallWith("AB");
         hall.receive(0, 5, 7, 0);
         hall.receive(0, 3, 8, 0);
         hall.receive(1, 9, 60, 0);
@@ -190,7 +190,7 @@ public final class TermsPromisesEdgesTest extends Edges {
     }
 
     private static void promisesPromised() {
-        WareHall hall = Check.hallWith("AB");
+        Hall hall = Check.hallWith("AB");
         hall.addSubstitute(1, 0, 1);
         hall.receive(0, 20, 60, 0);
         hall.receive(1, 1, 60, 1);
@@ -212,7 +212,7 @@ public final class TermsPromisesEdgesTest extends Edges {
     }
 
     private static void promisesPresentDayIncluded() {
-        WareHall hall = Check.hallWith("A");
+        Hall hall = Check.hallWith("A");
         hall.receive(0, 9, 60, 0);
         hall.promise(0, 4, 0, false);
         available(hall, 0, 5);
@@ -227,17 +227,17 @@ public final class TermsPromisesEdgesTest extends Edges {
     }
 
     private static void promisesDueDayIncluded() {
-        WareHall hall = Check.hallWith("A");
+        Hall hall = Check.hallWith("A");
         hall.receive(0, 5, 20, 0);
         hall.receive(0, 2, 21, 0);
         available(hall, 20, 7);
         available(hall, 21, 2);
         available(hall, 22, 0);
-        WareHall only = Check.hallWith("A");
+        Hall only = Check.hallWith("A");
         only.receive(0, 4, 0, 0);
         available(only, 0, 4);
         available(only, 1, 0);
-        WareHall sixty = Check.hallWith("A");
+        Hall sixty = Check.hallWith("A");
         sixty.receive(0, 4, 60, 0);
         sixty.receive(0, 3, 59, 0);
         available(sixty, 59, 7);
@@ -248,7 +248,7 @@ public final class TermsPromisesEdgesTest extends Edges {
     }
 
     private static void promisesLeastBetween() {
-        WareHall hall = Check.hallWith("A");
+        Hall hall = Check.hallWith("A");
         hall.receive(0, 10, 9, 0);
         hall.receive(0, 10, 19, 0);
         hall.promise(0, 9, 15, false);
@@ -267,8 +267,8 @@ public final class TermsPromisesEdgesTest extends Edges {
 
     // Making a promise
 
-    private static WareHall substitutes() {
-        WareHall hall = Check.hallWith("ABCABC");
+    private static Hall substitutes() {
+        Hall hall = Check.hallWith("ABCABC");
         hall.addSubstitute(0, 5, 2);
         hall.addSubstitute(0, 4, 1);
         hall.addSubstitute(0, 1, 2);
@@ -282,14 +282,14 @@ public final class TermsPromisesEdgesTest extends Edges {
 
     private static void makingAtMost() {
         for (boolean allowed : new boolean[] {false, true}) {
-            WareHall hall = substitutes();
+            Hall hall = substitutes();
             hall.promise(0, 3, 10, allowed);
             same("less than is available", quantities(hall, 0, 6), "3 0 0 0 0 0");
             hall.cancel(0);
             hall.promise(0, 4, 10, allowed);
             same("as much as is available", quantities(hall, 1, 6), "4 0 0 0 0 0");
         }
-        WareHall hall = substitutes();
+        Hall hall = substitutes();
         hall.promise(0, 5, 10, true);
         same("one more than is available", quantities(hall, 0, 6), "4 0 0 0 1 0");
     }
@@ -298,17 +298,17 @@ public final class TermsPromisesEdgesTest extends Edges {
         String[] due = {"4 0 0 0 0 0", "4 0 0 0 1 0", "4 0 0 0 2 0", "4 1 0 0 2 0", "4 2 0 0 2 0", "4 3 0 0 2 0",
             "4 3 0 0 2 1", "4 3 0 0 2 2", "4 3 0 0 2 3", "4 3 0 0 2 4", "4 3 0 0 2 5"};
         for (int more = 0; more < due.length; more++) {
-            WareHall hall = substitutes();
+            Hall hall = substitutes();
             hall.promise(0, 4 + more, 20, true);
             same("a promise of " + (4 + more), quantities(hall, 0, 6), due[more]);
         }
-        WareHall hall = substitutes();
+        Hall hall = substitutes();
         same("more than all", Check.outcome(() -> hall.promise(0, 15, 20, true)), "UnsupportedOperationException");
         same("not allowed", Check.outcome(() -> hall.promise(0, 5, 20, false)), "UnsupportedOperationException");
     }
 
     private static void makingInTheSameWay() {
-        WareHall hall = substitutes();
+        Hall hall = substitutes();
         hall.receive(1, 8, 9, 7);
         hall.promise(4, 1, 15, false);
         hall.promise(0, 8, 10, true);
@@ -322,7 +322,7 @@ public final class TermsPromisesEdgesTest extends Edges {
         refuses(scene, UNSUPPORTED, "a rest of one", hall -> hall.promise(0, 15, 20, true));
         refuses(scene, UNSUPPORTED, "all is a rest", hall -> hall.promise(2, 1, 20, true));
         refuses(scene, UNSUPPORTED, "a day too late", hall -> hall.promise(0, 1, 21, true));
-        WareHall hall = substitutes();
+        Hall hall = substitutes();
         same("a rest", Check.outcome(() -> hall.promise(0, 60, 20, true)), "UnsupportedOperationException");
         same("the first promise is still to come", hall.promise(0, 14, 20, true), 0);
     }
@@ -330,7 +330,7 @@ public final class TermsPromisesEdgesTest extends Edges {
     // Picking
 
     private static void pickingOpen() {
-        WareHall hall = Check.hallWith("A");
+        Hall hall = Check.hallWith("A");
         hall.receive(0, 3, 9, 5);
         hall.promise(0, 3, 9, false);
         same("at first", lines(hall, 0), "5/0/3");
@@ -345,7 +345,7 @@ public final class TermsPromisesEdgesTest extends Edges {
     }
 
     private static void pickingOnTheDueDayOrLater() {
-        WareHall hall = Check.hallWith("A");
+        Hall hall = Check.hallWith("A");
         hall.receive(0, 5, 6, 0);
         hall.receive(0, 5, 7, 1);
         hall.receive(0, 5, 8, 2);
@@ -358,7 +358,7 @@ public final class TermsPromisesEdgesTest extends Edges {
     }
 
     private static void pickingOrderOfLots() {
-        WareHall hall = Check.hallWith("A");
+        Hall hall = Check.hallWith("A");
         hall.receive(0, 2, 20, 0);
         hall.receive(0, 2, 10, 30);
         hall.receive(0, 2, 10, 20);
@@ -373,7 +373,7 @@ public final class TermsPromisesEdgesTest extends Edges {
     }
 
     private static void pickingOrderOfRoute() {
-        WareHall hall = Check.hallWith("A");
+        Hall hall = Check.hallWith("A");
         hall.receive(0, 10, 20, 10);
         for (int bin : new int[] {19, 30, 39, 9}) {
             hall.move(0, 10, bin, 2);
@@ -389,7 +389,7 @@ public final class TermsPromisesEdgesTest extends Edges {
     }
 
     private static void pickingPossibleAndNeeded() {
-        WareHall hall = Check.hallWith("A");
+        Hall hall = Check.hallWith("A");
         hall.receive(0, 30, 20, 7);
         hall.receive(0, 30, 20, 6);
         int[] promised = {1, 29, 30, 31, 59, 60};
@@ -402,7 +402,7 @@ public final class TermsPromisesEdgesTest extends Edges {
     }
 
     private static void pickingEachAmount() {
-        WareHall hall = Check.hallWith("AB");
+        Hall hall = Check.hallWith("AB");
         hall.addSubstitute(0, 1, 1);
         hall.receive(0, 2, 20, 5);
         hall.receive(0, 2, 20, 5);
@@ -414,7 +414,7 @@ public final class TermsPromisesEdgesTest extends Edges {
     }
 
     private static void pickingNumbers() {
-        WareHall hall = Check.hallWith("AB");
+        Hall hall = Check.hallWith("AB");
         hall.addSubstitute(1, 0, 1);
         hall.receive(0, 2, 20, 14);
         hall.receive(1, 2, 30, 14);
@@ -427,7 +427,7 @@ public final class TermsPromisesEdgesTest extends Edges {
     }
 
     private static void pickingUnitsLeave() {
-        WareHall hall = Check.hallWith("A");
+        Hall hall = Check.hallWith("A");
         hall.receive(0, 5, 20, 14);
         hall.receive(0, 5, 10, 3);
         hall.promise(0, 6, 5, false);
@@ -440,7 +440,7 @@ public final class TermsPromisesEdgesTest extends Edges {
     }
 
     private static void pickingKeepsLines() {
-        WareHall hall = Check.hallWith("A");
+        Hall hall = Check.hallWith("A");
         hall.receive(0, 5, 20, 14);
         hall.receive(0, 5, 10, 3);
         hall.promise(0, 6, 5, false);
@@ -459,7 +459,7 @@ public final class TermsPromisesEdgesTest extends Edges {
     // Walks
 
     private static void walk(int due, int... bins) {
-        WareHall hall = Check.hallWith("A");
+        Hall hall = Check.hallWith("A");
         hall.receive(0, bins.length, 20, bins[0]);
         for (int i = 1; i < bins.length; i++) {
             hall.move(0, bins[0], bins[i], 1);
@@ -481,7 +481,7 @@ public final class TermsPromisesEdgesTest extends Edges {
         walk(20 + 8 + 2, 9, 10);
         walk(24 + 2 + 2 + 2 + 2, 0, 10, 20, 30);
         walk(24 + 44, 0, 9, 10, 19, 20, 29, 30, 39);
-        WareHall hall = Check.hallWith("A");
+        Hall hall = Check.hallWith("A");
         hall.receive(0, 1, 20, 0);
         for (int bin = 1; bin < 40; bin++) {
             hall.count(bin, 0, 1);
