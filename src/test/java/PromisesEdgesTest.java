@@ -472,23 +472,30 @@ public final class PromisesEdgesTest extends Edges {
 
     private static void promise13Differences() {
         availables(false);
-        accepts(PromisesEdgesTest::manyUnits, 1200, "forty full bins", hall -> hall.available(0, 60));
+        for (int number = 0; number <= 1200; number++) {
+            int units = number;
+            accepts(() -> units(units), units, "of so many units", hall -> hall.available(0, 60));
+        }
         accepts(Edges::allFull, 116, "a full object, four promised", hall -> hall.available(1, 60));
         accepts(Edges::allFull, 117, "a full object, three promised", hall -> hall.available(5, 60));
     }
 
     private static void promise14SameNumber() {
         availables(true);
-        accepts(PromisesEdgesTest::manyUnits, 1200, "forty full bins", hall -> hall.availableByTrying(0, 60));
+        for (int number = 0; number <= 1200; number++) {
+            int units = number;
+            accepts(() -> units(units), units, "of so many units", hall -> hall.availableByTrying(0, 60));
+        }
         accepts(Edges::allFull, 116, "a full object, four promised", hall -> hall.availableByTrying(1, 60));
         accepts(Edges::allFull, 117, "a full object, three promised", hall -> hall.availableByTrying(5, 60));
     }
 
-    private static Hall manyUnits() {
+    /** So many units of one lot, in as few bins as can be: with 1200 of them all bins are full. */
+    private static Hall units(int number) {
         Hall hall = Check.hallWith("A");
         hall.receive(0, 30, 60, 0);
-        for (int bin = 1; bin < 40; bin++) {
-            hall.count(bin, 0, 30);
+        for (int bin = 0; bin < 40; bin++) {
+            hall.count(bin, 0, Math.max(0, Math.min(30, number - 30 * bin)));
         }
         return hall;
     }

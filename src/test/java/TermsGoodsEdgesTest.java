@@ -59,6 +59,7 @@ public final class TermsGoodsEdgesTest extends Edges {
                 .say(counted, TermsGoodsEdgesTest::countingQuantity)
                 .say(counted, TermsGoodsEdgesTest::countingPresentDay)
                 .say(counted, TermsGoodsEdgesTest::countingDayZero)
+                .say(counted, TermsGoodsEdgesTest::countingByNoOtherCall)
                 .say(broken, TermsGoodsEdgesTest::countingAsLongAs)
                 .say(broken, TermsGoodsEdgesTest::countingDaysFromThePresentOne)
                 .say(broken, TermsGoodsEdgesTest::countingGreatestDay)
@@ -333,6 +334,35 @@ public final class TermsGoodsEdgesTest extends Edges {
             same("received on the day 30", hall.countDay(bin), 5);
             same("due long ago", hall.countsDue(), 1);
         }
+    }
+
+    private static void countingByNoOtherCall() {
+        Hall hall = Check.hallWith("A");
+        hall.receive(0, 9, 50, 3);
+        hall.receive(0, 2, 4, 3);
+        hall.pass(2);
+        hall.count(3, 0, 9);
+        hall.pass(1);
+        hall.receive(0, 5, 50, 3);
+        same("receiving", hall.countDay(3), 7);
+        hall.move(0, 3, 20, 1);
+        same("moving from the bin", hall.countDay(3), 7);
+        same("moving to a bin", hall.countDay(20), 5);
+        hall.promise(0, 1, 5, false);
+        same("promising", hall.countDay(3), 7);
+        hall.pick(0);
+        same("picking", hall.countDay(3), 7);
+        hall.pass(2);
+        same("a day", hall.countDay(3), 7);
+        hall.dispose(1);
+        same("disposing", hall.countDay(3), 7);
+        hall.count(20, 0, 1);
+        same("counting the lot in another bin", hall.countDay(3), 7);
+        hall.move(0, 3, 30, 7);
+        hall.move(2, 3, 30, 5);
+        same("the bin is empty", Check.outcome(() -> hall.countDay(3)), "NoSuchElementException");
+        hall.move(0, 30, 3, 1);
+        same("it was empty in between", hall.countDay(3), 7);
     }
 
     /** 10 units that last to the day 90, and so many promises of one unit, due on the day 20. */
