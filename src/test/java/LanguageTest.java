@@ -52,12 +52,12 @@ public final class LanguageTest extends TreePathScanner<Void, Void> {
             Kind.BLOCK, Kind.BOOLEAN_LITERAL, Kind.BREAK, Kind.CHAR_LITERAL, Kind.CLASS, Kind.COMPILATION_UNIT,
             Kind.CONDITIONAL_AND, Kind.CONDITIONAL_EXPRESSION, Kind.CONDITIONAL_OR, Kind.CONTINUE, Kind.DIVIDE,
             Kind.EQUAL_TO, Kind.EXPRESSION_STATEMENT, Kind.FOR_LOOP, Kind.GREATER_THAN, Kind.GREATER_THAN_EQUAL,
-            Kind.IDENTIFIER, Kind.IF, Kind.IMPORT, Kind.INT_LITERAL, Kind.LEFT_SHIFT, Kind.LESS_THAN, Kind.LESS_THAN_EQUAL,
-            Kind.LOGICAL_COMPLEMENT, Kind.MEMBER_SELECT, Kind.METHOD, Kind.METHOD_INVOCATION, Kind.MINUS,
-            Kind.MINUS_ASSIGNMENT, Kind.MODIFIERS, Kind.MULTIPLY, Kind.NEW_ARRAY, Kind.NEW_CLASS, Kind.NOT_EQUAL_TO,
-            Kind.PARENTHESIZED, Kind.PLUS, Kind.PLUS_ASSIGNMENT, Kind.POSTFIX_DECREMENT, Kind.POSTFIX_INCREMENT,
-            Kind.PRIMITIVE_TYPE, Kind.REMAINDER, Kind.RETURN, Kind.RIGHT_SHIFT, Kind.STRING_LITERAL, Kind.THROW,
-            Kind.TYPE_CAST, Kind.UNARY_MINUS, Kind.VARIABLE, Kind.WHILE_LOOP);
+            Kind.IDENTIFIER, Kind.IF, Kind.IMPORT, Kind.INT_LITERAL, Kind.LEFT_SHIFT, Kind.LESS_THAN,
+            Kind.LESS_THAN_EQUAL, Kind.LOGICAL_COMPLEMENT, Kind.MEMBER_SELECT, Kind.METHOD, Kind.METHOD_INVOCATION,
+            Kind.MINUS, Kind.MINUS_ASSIGNMENT, Kind.MODIFIERS, Kind.MULTIPLY, Kind.NEW_ARRAY, Kind.NEW_CLASS,
+            Kind.NOT_EQUAL_TO, Kind.PARENTHESIZED, Kind.PLUS, Kind.PLUS_ASSIGNMENT, Kind.POSTFIX_DECREMENT,
+            Kind.POSTFIX_INCREMENT, Kind.PRIMITIVE_TYPE, Kind.REMAINDER, Kind.RETURN, Kind.RIGHT_SHIFT,
+            Kind.STRING_LITERAL, Kind.THROW, Kind.TYPE_CAST, Kind.UNARY_MINUS, Kind.VARIABLE, Kind.WHILE_LOOP);
     private static final Set<String> EXCEPTIONS = Set.of("IllegalStateException", "IllegalArgumentException",
             "IndexOutOfBoundsException", "ArithmeticException", "UnsupportedOperationException",
             "NoSuchElementException", "RuntimeException");

@@ -49,17 +49,20 @@ public final class TermsPromisesEdgesTest extends Edges {
         String quantity = "The quantity for an item is taken from those of its lots that expire on the due day or "
                 + "later, in the order of the lots; from the bins of a lot in the order of the route; from each bin as "
                 + "much as possible and needed.";
+        String numbered = "The pick lines are numbered from 0 in the order of the route, lines in the same bin by the "
+                + "number of the lot.";
         String picked = "When the promise is picked, these units leave the bins, and the promise keeps its pick lines.";
         all.at("Terms, Picking")
                 .say("The pick lines of an open promise are found as follows.", TermsPromisesEdgesTest::pickingOpen)
+                .say(quantity, TermsPromisesEdgesTest::pickingLastItem)
                 .say(quantity, TermsPromisesEdgesTest::pickingOnTheDueDayOrLater)
                 .say(quantity, TermsPromisesEdgesTest::pickingOrderOfLots)
                 .say(quantity, TermsPromisesEdgesTest::pickingOrderOfRoute)
                 .say(quantity, TermsPromisesEdgesTest::pickingPossibleAndNeeded)
                 .say("Each amount that is taken from a lot in a bin is a pick line.",
                         TermsPromisesEdgesTest::pickingEachAmount)
-                .say("The pick lines are numbered from 0 in the order of the route, lines in the same bin by the "
-                        + "number of the lot.", TermsPromisesEdgesTest::pickingNumbers)
+                .say(numbered, TermsPromisesEdgesTest::pickingNumbers)
+                .say(numbered, TermsPromisesEdgesTest::pickingNumbersOfManyLines)
                 .say(picked, TermsPromisesEdgesTest::pickingUnitsLeave)
                 .say(picked, TermsPromisesEdgesTest::pickingKeepsLines);
     }
@@ -344,6 +347,17 @@ public final class TermsPromisesEdgesTest extends Edges {
         }
     }
 
+    /** One lot only, of the item with the highest number. */
+    private static void pickingLastItem() {
+        Hall hall = Check.hallWith("ABCABC");
+        hall.receive(5, 3, 9, 5);
+        hall.promise(5, 2, 9, false);
+        same("the line", lines(hall, 0), "5/0/2");
+        same("the walk", hall.walk(0), 12);
+        same("picked", hall.pick(0), 1);
+        same("what is left", hall.stock(0, 5), 1);
+    }
+
     private static void pickingOnTheDueDayOrLater() {
         Hall hall = Check.hallWith("A");
         hall.receive(0, 5, 6, 0);
@@ -424,6 +438,25 @@ public final class TermsPromisesEdgesTest extends Edges {
         same("by the route, then by the lot", lines(hall, 0), "15/3/2 14/0/2 14/1/2 14/2/2");
         same("no line before 0", Check.outcome(() -> hall.pickBin(0, -1)), "NoSuchElementException");
         same("no line behind the last", Check.outcome(() -> hall.pickBin(0, 4)), "NoSuchElementException");
+    }
+
+    /** 24 lots of two units, in five bins in turn; the last one of them is taken from first. */
+    private static void pickingNumbersOfManyLines() {
+        int[] bins = {39, 12, 0, 17, 20};
+        Hall hall = Check.hallWith("A");
+        for (int lot = 0; lot < 24; lot++) {
+            hall.receive(0, 2, 99 - lot, bins[lot % 5]);
+        }
+        hall.promise(0, 48, 60, false);
+        StringBuilder due = new StringBuilder();
+        for (int turn : new int[] {2, 3, 1, 4, 0}) {
+            for (int lot = turn; lot < 24; lot += 5) {
+                due.append(due.length() == 0 ? "" : " ").append(bins[turn]).append('/').append(lot).append("/2");
+            }
+        }
+        same("open", lines(hall, 0), due.toString());
+        hall.pick(0);
+        same("picked", lines(hall, 0), due.toString());
     }
 
     private static void pickingUnitsLeave() {
